@@ -19,7 +19,7 @@ final class RandomFile {
     private List<Sig> methods;
     private int[][] table;
     private int firstVirtual;
-    private final boolean wild;
+    private final boolean wild, shaken;
 
     // the CODE that is being made
     private List<Integer> code;
@@ -33,6 +33,7 @@ final class RandomFile {
     RandomFile(Random r) {
         this.r = r;
         wild = r.nextInt(10) == 0;
+        shaken = r.nextInt(6) == 0;
     }
 
     private boolean chance(int percent) {
@@ -187,6 +188,34 @@ final class RandomFile {
             expression(s.ret, 1);
             code.add(50);
         }
+        if (shaken && code.size() < 121) {
+            shake();
+        }
+    }
+
+    /** Jumps go on elsewhere: ways come together that were not meant to. */
+    private void shake() {
+        List<Integer> begins = new ArrayList<>();
+        List<Integer> jumps = new ArrayList<>();
+        int p = 0;
+        while (p < code.size()) {
+            int op = code.get(p);
+            begins.add(p);
+            if (op >= 21 && op <= 37) {
+                jumps.add(p + 1);
+            }
+            if (op == 53) {
+                for (int i = 0; i <= code.get(p + 1); i++) {
+                    jumps.add(p + 2 + i);
+                }
+            }
+            boolean three = op == 1 || op == 20 || op == 39 || op == 40;
+            boolean two = op == 0 || op == 3 || op == 4 || op >= 21 && op <= 38 || op >= 45 && op <= 48;
+            p += op == 53 ? 3 + code.get(p + 1) : three ? 3 : two ? 2 : 1;
+        }
+        for (int k = 1 + r.nextInt(2); k > 0 && !jumps.isEmpty(); k--) {
+            code.set(jumps.get(r.nextInt(jumps.size())), begins.get(r.nextInt(begins.size())));
+        }
     }
 
     private void put(int... bytes) {
@@ -228,6 +257,11 @@ final class RandomFile {
             return type;
         }
         if (!leaf && chance(type == 1 ? 25 : 6) && field(type, d)) {
+            return type;
+        }
+        if (!leaf && type >= 16 && chance(5)) {
+            object(d);
+            put(46, type - 16);
             return type;
         }
         if (type == 1) {
