@@ -753,7 +753,8 @@ public final class TierMill {
 
         int faultMethod;
         int faultPlace;
-        private final boolean[] waits;
+        /** 1 for an INSTRUCTION before which something changed and that has not been gone behind since. */
+        private final int[] waits;
         private Program file;
         private Shape shape;
         private boolean changed;
@@ -763,7 +764,7 @@ public final class TierMill {
         private long stack;
 
         Verifier() {
-            waits = new boolean[MOST_BYTES];
+            waits = new int[MOST_BYTES];
         }
 
         boolean findsFault(Program program) {
@@ -786,7 +787,7 @@ public final class TierMill {
             int first = shape.codeAt;
             int end = first + shape.codeLength;
             Arrays.fill(file.height, first, end, NOT_COME_TO);
-            Arrays.fill(waits, first, end, false);
+            Arrays.fill(waits, first, end, 0);
             locals = 0;
             for (int i = 0; i < shape.params; i++) {
                 locals |= (long) shape.types[i] << 8 * i;
@@ -797,8 +798,8 @@ public final class TierMill {
             for (int round = 0; changed && round < FAR_ABOVE; round++) {
                 changed = false;
                 for (int at = first; at < end; at++) {
-                    if (waits[at]) {
-                        waits[at] = false;
+                    if (waits[at] != 0) {
+                        waits[at] = 0;
                         goBehind(at);
                     }
                 }
@@ -922,7 +923,7 @@ public final class TierMill {
             file.height[at] = newHeight;
             file.localKinds[at] = newLocals;
             file.stackKinds[at] = newStack;
-            waits[at] = true;
+            waits[at] = 1;
             changed = true;
         }
 

@@ -145,6 +145,9 @@ final class FaultTest {
         wrongCode("class 2 of 2 is cast to", 0, 46, 2, 49);
         wrongCode("METHOD 1 of 1", 0, 47, 1, 49);
         wrongCode("SELECTOR 1 of 1", 0, 48, 1, 49);
+        for (int op = 21; op <= 37; op++) {
+            wrongCode("on at no PLACE: " + op, 0, op, 1, 49);
+        }
         wrongCode("on at no PLACE", 0, 21, 2);
         wrongCode("on behind the CODE", 0, 21, 200);
         wrongCode("on within one", 0, 21, 1, 49);
@@ -274,6 +277,9 @@ final class FaultTest {
         wrong("behind too few it CLASHES", 2, 21, 5, 0, 1, 50, 5, 21, 2);
         wrong("6 of NO", 9, 3, 0, 22, 7, 2, 21, 9, 0, 1, 6, 5, 5, 0, 1, 50);
         wrong("4 of NO", 9, 3, 0, 22, 7, 2, 21, 9, 0, 1, 4, 1, 0, 1, 50);
+        wrong("36 of NO and null", 10, 3, 0, 22, 7, 2, 21, 9, 0, 1, 2, 36, 12, 0, 1, 50);
+        wrong("36 of null and NO", 10, 2, 3, 0, 22, 8, 2, 21, 10, 0, 1, 36, 12, 0, 1, 50);
+        wrong("34 of NO", 9, 3, 0, 22, 7, 2, 21, 9, 0, 1, 34, 11, 0, 1, 50);
         wrong("7 of NO", 11, 3, 0, 22, 7, 2, 21, 9, 0, 1, 0, 1, 7, 50);
     }
 
@@ -340,6 +346,8 @@ final class FaultTest {
         any("36 of ANY and null", 0, 2, 36, 13, 0, 1, 50);
         any("34 of ANY", 0, 34, 12, 0, 1, 50);
         any("36 of ANY and an ARRAY", 13, 0, 1, 41, 36, 15, 0, 1, 50);
+        any("37 of ANY and an ARRAY", 13, 0, 1, 41, 37, 15, 0, 1, 50);
+        wrong("36 of an ARRAY and ANY", 13, 0, 1, 41, 3, 0, 22, 11, 38, 0, 21, 13, 38, 2, 36, 15, 0, 1, 50);
         any("48 of ANY", 12, 0, 1, 48, 0, 50);
         any("ANY for a REF", 12, 0, 1, 47, 1, 50);
         any("ANY for INT", 10, 50);

@@ -289,6 +289,17 @@ final class LimitTest {
         check.due(what + " throws nothing else", true, fair);
     }
 
+    private static void readmeExample() {
+        TierMill mill = new TierMill();
+        mill.put(0x00_00_01_01_01_01_01_02L, 8);
+        mill.put(0x06_03_00_03_00_0A_32L, 7);
+        check.due("README: load", 1, mill::load);
+        mill.start(7, 0, 0, 0);
+        check.due("README: run", 4, mill.run(100));
+        check.due("README: state", 2, mill.state());
+        check.due("README: result", 49, mill.result(1));
+    }
+
     public static void main(String[] args) {
         newObject();
         settings();
@@ -299,6 +310,7 @@ final class LimitTest {
         plans();
         starts();
         oddArguments();
+        readmeExample();
         check.end();
     }
 }

@@ -206,6 +206,12 @@ final class StepTest {
         mill = inRoom(4000, filer(1, 0x0F, 0x9E, 41, 44, 50));
         mill.run(9);
         check.due("3998 INTS in 4000 CELLS", 3998, mill.result(1));
+        mill = inRoom(4000, filer(38, 0, 4, 2, 38, 1, 5, 1, 0x0F, 0x99, 41, 4, 3, 3, 3, 1, 0x0F, 0x98, 0, 9, 43,
+            2, 4, 3, 1, 0x0F, 0x99, 41, 4, 3, 3, 3, 1, 0x0F, 0x98, 0, 8, 43, 3, 3, 1, 0x0F, 0x98, 42, 50));
+        mill.run(99);
+        check.due("both halves have all CELLS", 8, mill.result(1));
+        check.due("two ENTRIES", 2, mill.total(4));
+        check.due("all CELLS are USED", 4000, mill.total(5));
         mill = inRoom(4000, filer(1, 0x0F, 0x9F, 41, 44, 50));
         mill.run(9);
         check.due("3999 INTS in 4000 CELLS", 6, mill.result(0));
