@@ -134,6 +134,8 @@ final class FaultTest {
         wrongCode("n 9 is as long as that tells", 2, 21, 14, 53, 9, 0, 0, 0, 0, 0, 0, 0, 0, 0, 0, 49);
         wrongCode("n 200 is too long", 2, 21, 2, 53, 200, 0, 0, 0, 49);
         wrongCode("a PLACE of 53 where none begins", 2, 0, 0, 53, 2, 0, 7, 1, 49);
+        wrongCode("the first PLACE of 53 where none begins", 2, 0, 0, 53, 1, 1, 0);
+        sound("n 8", new Filer().method(0, NO_TYPES, 0, 1, 52, 53, 8, 0, 12, 0, 0, 0, 0, 0, 0, 12, 49), 1);
         wrongCode("LOCAL 2 of 2", 0, 3, 2, 49);
         wrongCode("LOCAL 2 of 2 is set", 2, 0, 0, 4, 2, 49);
         wrongCode("LOCAL 255 is added to", 0, 20, 255, 1, 49);
@@ -274,6 +276,7 @@ final class FaultTest {
         wrong("LOCAL that one way did not set", 9, 3, 0, 22, 9, 2, 4, 1, 21, 9, 3, 1, 5, 0, 1, 50);
         wrong("what is WRONG is gone behind", 2, 21, 6, 5, 0, 1, 50, 2, 51, 21, 2);
         wrong("behind too many it CLASHES", 2, 21, 5, 0, 1, 50, 52, 52, 52, 52, 52, 21, 2);
+        wrong("what CLASHES is WRONG", 2, 21, 4, 50, 49, 52, 52, 52, 52, 52, 21, 2);
         wrong("behind too few it CLASHES", 2, 21, 5, 0, 1, 50, 5, 21, 2);
         wrong("6 of NO", 9, 3, 0, 22, 7, 2, 21, 9, 0, 1, 6, 5, 5, 0, 1, 50);
         wrong("4 of NO", 9, 3, 0, 22, 7, 2, 21, 9, 0, 1, 4, 1, 0, 1, 50);
@@ -326,6 +329,19 @@ final class FaultTest {
         check.due("null on the STACK", NULL, mill.kind(1, 1, 100));
         check.due("null and REF in a loop", REF + 1, mill.kind(1, 3, 0));
         check.due("no FILE", -1, new TierMill().kind(0, 0, 0));
+        lastClass();
+    }
+
+    /** Eight classes, 6 and 7 both below 5. */
+    private static void lastClass() {
+        Filer file = new Filer().cls(-1);
+        for (int c = 1; c < 8; c++) {
+            file.cls(c == 7 ? 5 : c - 1);
+        }
+        TierMill mill = file.method(0, new int[] {INT}, 3, 1,
+            3, 0, 22, 14, 38, 7, 4, 1, 38, 7, 4, 2, 21, 21, 38, 6, 4, 1, 2, 4, 2, 49).loaded();
+        check.due("class 6 and 7 are below class 5", REF + 5, mill.kind(0, 21, 1));
+        check.due("class 7 and null", REF + 7, mill.kind(0, 21, 2));
     }
 
     private static void any(String what, int place, int... behind) {

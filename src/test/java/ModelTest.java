@@ -10,7 +10,6 @@ final class ModelTest {
     private final Random r;
     private final TierMill mill = new TierMill();
     private final Model model = new Model();
-    private int classes;
 
     private ModelTest(long seed) {
         // Neighbouring seeds begin alike without this.
@@ -235,7 +234,7 @@ final class ModelTest {
 
     public static void main(String[] args) {
         long first = args.length > 0 ? Long.parseLong(args[0]) : 1;
-        long count = args.length > 1 ? Long.parseLong(args[1]) : 250;
+        long count = args.length > 1 ? Long.parseLong(args[1]) : 400;
         int wrong = 0;
         for (long seed = first; seed < first + count && wrong < 10; seed++) {
             try {
