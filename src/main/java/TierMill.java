@@ -1166,6 +1166,9 @@ public final class TierMill {
      * of an ARRAY), then its parts. What is REACHED is brought over to the other half when it is COLLECTED.
      */
     private static final class Heap {
+        /** KINDS that are INT or NO have no bits but these: most FRAMES have nothing to bring. */
+        private static final long INTS_ALONE = 0x0101010101010101L;
+
         int cellsMost;
         int used;
         int latest;
@@ -1224,7 +1227,11 @@ public final class TierMill {
             other = old;
             used = 0;
             for (int f = 0; f < frames.depth; f++) {
-                bringSlots(file, frames, f);
+                int at = frames.kindsAt(file, f);
+                int first = f * Frames.SLOTS;
+                int locals = file.methods[frames.methodOf[f]].locals;
+                bringSlots(file, frames.slots, file.localKinds[at], first, locals);
+                bringSlots(file, frames.slots, file.stackKinds[at], first + MOST_LOCALS, frames.height[f]);
             }
             int ref = 1;
             while (ref <= used && ref < MOST_CELLS) {
@@ -1236,13 +1243,13 @@ public final class TierMill {
             }
         }
 
-        private void bringSlots(Program file, Frames frames, int f) {
-            int at = frames.kindsAt(file, f);
-            int there = MOST_LOCALS + frames.height[f];
-            for (int slot = 0; slot < there; slot++) {
-                if (Program.isReference(file.kindAt(at, slot))) {
-                    int i = f * Frames.SLOTS + slot;
-                    frames.slots[i] = broughtOver(file, frames.slots[i]);
+        private void bringSlots(Program file, int[] slots, long kinds, int first, int count) {
+            if ((kinds & ~INTS_ALONE) == 0) {
+                return;
+            }
+            for (int i = 0; i < count; i++) {
+                if (Program.isReference(Program.kindIn(kinds, i))) {
+                    slots[first + i] = broughtOver(file, slots[first + i]);
                 }
             }
         }
