@@ -1,4 +1,10 @@
+import java.io.IOException;
+import java.nio.file.Files;
+import java.nio.file.Path;
+import java.util.LinkedHashSet;
+import java.util.Map;
 import java.util.NoSuchElementException;
+import java.util.Set;
 
 /** Counts and prints the answers that are not as due. */
 final class Check {
@@ -10,15 +16,44 @@ final class Check {
     static final int STATE = -1000002;
     static final int ARITHMETIC = -1000003;
     static final int NO_ELEMENT = -1000004;
+    /** What no call may throw. */
+    static final int ANOTHER = -1000005;
+    private static final int NOT_ASKED = -1000006;
 
+    private static final Path DOCUMENT = Path.of("../shared/DOC.md");
+
+    private final String document = readDocument();
+    private String sentence = "";
     private int wrong;
     private int all;
+
+    private static String readDocument() {
+        try {
+            return Files.exists(DOCUMENT) ? plain(Files.readString(DOCUMENT)) : "";
+        } catch (IOException e) {
+            return "";
+        }
+    }
+
+    private static String plain(String text) {
+        return text.replaceAll("\\s+", " ");
+    }
+
+    /** What comes now tests this sentence, which must stand in the document word for word. */
+    void says(String words) {
+        sentence = words;
+        if (!document.isEmpty() && !document.contains(plain(words))) {
+            wrong++;
+            System.out.println("the document does not say: " + words);
+        }
+    }
 
     void due(String what, int want, int got) {
         all++;
         if (got != want) {
             wrong++;
-            System.out.println(what + " answered " + got + ", due is " + want);
+            System.out.println((sentence.isEmpty() ? "" : "[" + sentence + "] ")
+                + what + " answered " + got + ", due is " + want);
         }
     }
 
@@ -28,19 +63,42 @@ final class Check {
 
     /** For calls that may throw: an exception of the document counts as one of the numbers above. */
     void due(String what, int want, Call call) {
-        int got;
+        due(what, want, answered(call));
+    }
+
+    static int answered(Call call) {
         try {
-            got = call.answer();
-        } catch (IllegalArgumentException e) {
-            got = e.getClass() == IllegalArgumentException.class ? ARGUMENT : -1;
-        } catch (IllegalStateException e) {
-            got = e.getClass() == IllegalStateException.class ? STATE : -1;
-        } catch (ArithmeticException e) {
-            got = ARITHMETIC;
-        } catch (NoSuchElementException e) {
-            got = e.getClass() == NoSuchElementException.class ? NO_ELEMENT : -1;
+            return call.answer();
+        } catch (RuntimeException e) {
+            if (e.getClass() == IllegalArgumentException.class) {
+                return ARGUMENT;
+            }
+            if (e.getClass() == IllegalStateException.class) {
+                return STATE;
+            }
+            if (e.getClass() == ArithmeticException.class) {
+                return ARITHMETIC;
+            }
+            return e.getClass() == NoSuchElementException.class ? NO_ELEMENT : ANOTHER;
         }
-        due(what, want, got);
+    }
+
+    /** Two ways must be seen alike, but for these calls, each of which must answer something else. */
+    void alike(String what, Seen.Way one, Seen.Way other, String... but) {
+        Map<String, Integer> first = Seen.all(one);
+        Map<String, Integer> second = Seen.all(other);
+        Set<String> calls = new LinkedHashSet<>(first.keySet());
+        calls.addAll(second.keySet());
+        Set<String> differing = Set.of(but);
+        for (String call : calls) {
+            int before = first.getOrDefault(call, NOT_ASKED);
+            int behind = second.getOrDefault(call, NOT_ASKED);
+            if (differing.contains(call)) {
+                due(what + ": " + call + " changes", true, before != behind);
+            } else {
+                due(what + ": " + call, before, behind);
+            }
+        }
     }
 
     void end() {

@@ -226,19 +226,11 @@ final class LimitTest {
     /** Every call with every odd argument: nothing but what the document says is thrown. */
     private static void oddArguments() {
         int[] odd = {LEAST, LEAST + 1, -101, -1, 0, 1, 2, 7, 8, 16, 99, 100, 101, 107, 108, 120, 1500, GREATEST};
-        TierMill[] mills = new TierMill[5];
-        for (int i = 0; i < mills.length; i++) {
-            mills[i] = i == 0 ? new TierMill() : sending().loaded();
-            if (i > 1) {
-                mills[i].room(20);
-                mills[i].start(i, 0, 0, 0);
-                mills[i].run(i == 2 ? 7 : i == 3 ? 60 : 2000);
-            }
-        }
-        for (TierMill mill : mills) {
+        for (int state = 0; state < 5; state++) {
             for (int a : odd) {
-                one(mill, a);
+                one(inState(state), a);
                 for (int b : odd) {
+                    TierMill mill = inState(state);
                     two(mill, a, b);
                     for (int c : odd) {
                         three(mill, a, b, c);
@@ -246,6 +238,20 @@ final class LimitTest {
                 }
             }
         }
+    }
+
+    /** Without a FILE, without a RUN, under way, further on, over. */
+    private static TierMill inState(int state) {
+        if (state == 0) {
+            return new TierMill();
+        }
+        TierMill mill = sending().loaded();
+        if (state > 1) {
+            mill.room(20);
+            mill.start(state, 0, 0, 0);
+            mill.run(state == 2 ? 7 : state == 3 ? 60 : 2000);
+        }
+        return mill;
     }
 
     private static Filer sending() {

@@ -1,0 +1,67 @@
+/** Ways to objects in all states, for the tests of the calls. */
+final class Busy {
+    private static final int INT = 1, ARRAY = 2, REF = 16;
+    private static final int[] NO_TYPES = {};
+
+    private Busy() {
+    }
+
+    static int[] filled(int count, int value) {
+        int[] all = new int[count];
+        java.util.Arrays.fill(all, value);
+        return all;
+    }
+
+    static Filer endless() {
+        return new Filer().method(0, NO_TYPES, 0, 0, 21, 0);
+    }
+
+    /** METHOD 0 RETURNS this number. */
+    static Filer giving(int number) {
+        return new Filer().method(INT, NO_TYPES, 0, 1, 0, number, 50);
+    }
+
+    /** A loop that sends to objects, makes ARRAYS and puts numbers out. */
+    static Filer file() {
+        return new Filer().cls(-1, INT, ARRAY, REF).cls(0).sel(INT, INT)
+            .method(INT, Filer.types(INT, INT), 4, 3,
+                38, 0, 4, 2, 3, 2, 3, 0, 48, 0, 51, 20, 0, 255, 3, 0, 26, 0, 52, 50)
+            .method(INT, Filer.types(REF, INT), 3, 3, 3, 0, 3, 1, 40, 0, 0, 3, 1, 47, 2, 50)
+            .method(INT, Filer.types(INT), 1, 2, 0, 2, 41, 5, 3, 0, 50)
+            .row(1).row(-1);
+    }
+
+    /** A RUN is under way, with all that can be seen; three bytes of another FILE are put together. */
+    static void run(TierMill mill) {
+        file().loadInto(mill);
+        mill.put(0x00_00_01, 3);
+        mill.room(30);
+        mill.give(5);
+        mill.give(-6);
+        mill.start(9, 7, 0, 0);
+        mill.run(92);
+    }
+
+    static void alone(TierMill mill) {
+        file().loadInto(mill);
+        mill.room(30);
+        mill.give(5);
+        mill.start(9, 7, 0, 0);
+        mill.run(92);
+    }
+
+    static void ended(TierMill mill) {
+        file().loadInto(mill);
+        mill.give(4);
+        mill.start(3, 8, 0, 0);
+        mill.run(500);
+    }
+
+    /** It traps by an ARRAY of less than 0 INTS, with objects and a FRAME that called. */
+    static void trapped(TierMill mill) {
+        new Filer().cls(-1, INT).method(INT, NO_TYPES, 1, 2, 38, 0, 4, 0, 0, 9, 51, 0, 255, 47, 1, 50)
+            .method(INT, Filer.types(INT), 1, 2, 3, 0, 41, 44, 50).loadInto(mill);
+        mill.start(0, 0, 0, 0);
+        mill.run(20);
+    }
+}
