@@ -658,21 +658,19 @@ public final class TierMill {
         private void markBegins(Shape shape) {
             int end = shape.codeAt + shape.codeLength;
             Arrays.fill(file.size, shape.codeAt, end, 0);
-            int at = shape.codeAt;
-            while (at < end) {
+            int size = 1;
+            for (int at = shape.codeAt; at < end; at += Math.max(1, size)) {
                 int op = file.bytes[at];
-                int size = sizeAt(at, end);
+                size = sizeAt(at, end);
                 if (size == NONE || at + size > end) {
                     file.size[at] = NONE;
-                    at = end;
-                } else {
-                    file.size[at] = size;
-                    file.siteAt[at] = NONE;
-                    if (op == CALL || op == SEND) {
-                        file.siteAt[at] = file.siteCount;
-                        file.siteCount++;
-                    }
-                    at += size;
+                    return;
+                }
+                file.size[at] = size;
+                file.siteAt[at] = NONE;
+                if (op == CALL || op == SEND) {
+                    file.siteAt[at] = file.siteCount;
+                    file.siteCount++;
                 }
             }
         }

@@ -264,7 +264,7 @@ final class EdgeSightTest {
     // ---- promises 17 to 21
 
     private static void methods() {
-        check.says("NONE if there is none such, or for another what; 0 without a RUN.");
+        check.says("Of a METHOD of the FILE, what 0: its COUNT, 1: 1 if it is COMPILED, else 0, 2: how many SITES are INLINED in its PLAN (0 without). NONE if there is none such, or for another what; 0 without a RUN.");
         TierMill mill = new TierMill();
         for (int m : new int[] {LEAST, -1, 0, 15, 16, GREATEST}) {
             check.due("no FILE", -1, mill.method(m, 0));
@@ -361,7 +361,7 @@ final class EdgeSightTest {
     }
 
     private static void logs() {
-        check.says("NONE if there is none such, or for another what. ## Promise 21");
+        check.says("Of the k-th ENTRY of the LOG, what 0: which one (1 to 3)");
         TierMill mill = new TierMill();
         check.due("no RUN", -1, mill.log(0, 0));
         Busy.run(mill);
@@ -379,6 +379,53 @@ final class EdgeSightTest {
         }
         mill.start(9, 0, 0, 0);
         check.due("a new RUN", -1, mill.log(0, 0));
+    }
+
+    /** One ENTRY of each kind: METHOD 2 is COMPILED with METHOD 3 in it, the heap is COLLECTED, a GUARD FAILS. */
+    private static void entries() {
+        check.says("2: the METHOD that was COMPILED, that of the COMPILED FRAME, or the one that made what did not fit, 3: of 1 how many SITES were INLINED, of 2 the METHOD of the SITE, of 3 USED ahead of it, 4: of 1 its bytes of CODE with those of all INLINED ones, of 2 the SITE's PLACE, of 3 USED then.");
+        TierMill mill = new Filer().cls(-1).cls(0).sel(0)
+            .method(0, NO_TYPES, 0, 1,
+                38, 0, 47, 2, 38, 0, 47, 2, 38, 0, 47, 2, 38, 1, 47, 2, 49)
+            .method(0, Filer.types(REF), 1, 1, 0, 3, 41, 5, 49)
+            .method(0, Filer.types(REF), 1, 1, 3, 0, 47, 3, 49)
+            .method(0, Filer.types(REF), 1, 1, 3, 0, 48, 0, 49)
+            .row(1).row(-1).loaded();
+        mill.room(16);
+        mill.start(0, 0, 0, 0);
+        mill.run(2000);
+        check.due("it has ENDED", 2, mill.state());
+        // 12 STEPS a call of METHOD 2; each makes an object (2 CELLS) and an ARRAY (5 CELLS).
+        int[][] want = {{1, 2 * 12 + 1, 2, 2, 5 + 5 + 5}, {3, 2 * 12 + 7, 1, 16, 2}, {2, 3 * 12 + 5, 2, 3, 2},
+            {1, 3 * 12 + 5, 1, 0, 5}};
+        check.due("ENTRIES", want.length, mill.total(4));
+        for (int k = 0; k < want.length; k++) {
+            for (int what = 0; what < 5; what++) {
+                check.due("log(" + k + ", " + what + ")", want[k][what], mill.log(k, what));
+            }
+        }
+    }
+
+    private static void eachTotal() {
+        check.says("What 0: STEPS of this RUN, 1: STEPS in all, 2: numbers put out, 3: FRAMES, 4: ENTRIES of the LOG, 5: USED, 6: the latest NUMBER, 7: how many were COMPILED in all RUNS, 8: inputs that are left, 9: the room of this RUN.");
+        TierMill mill = new TierMill();
+        Busy.alone(mill);
+        // A loop has 20 STEPS, and makes an object (5 CELLS) and an ARRAY (4 CELLS); the fourth one's object does not
+        // fit; the fifth one is in METHOD 2, behind its ARRAY.
+        int[] want = {92, 92, 4, 3, 2, 18, 10, 1, 1, 30};
+        for (int what = 0; what < 10; what++) {
+            check.due("total(" + what + ")", want[what], mill.total(what));
+        }
+        mill.start(1, 0, 0, 0);
+        int[] begun = {0, 92, 0, 1, 0, 0, 0, 1, 1, 30};
+        for (int what = 0; what < 10; what++) {
+            check.due("begun: total(" + what + ")", begun[what], mill.total(what));
+        }
+        mill.run(2000);
+        int[] over = {22, 114, 1, 0, 0, 9, 2, 1, 0, 30};
+        for (int what = 0; what < 10; what++) {
+            check.due("over: total(" + what + ")", over[what], mill.total(what));
+        }
     }
 
     private static void totals() {
@@ -428,6 +475,8 @@ final class EdgeSightTest {
         inlinedSites();
         profiles();
         logs();
+        entries();
+        eachTotal();
         totals();
         check.end();
     }

@@ -198,6 +198,114 @@ final class EdgeStepTest {
         check.due("two inputs", 43, result(asking, 0, 0));
     }
 
+    // ---- the STACK, LOCALS, FIELDS and INTS
+
+    /** Eight LOCALS, and a STACK that is full: what is moved is all that moves. */
+    private static void moving() {
+        check.says("3 l: > the LOCAL. 4 l: x >, the LOCAL becomes x. 5: x >. 6: x > x, x. 7: x, y > y, x.");
+        TierMill mill = new Filer().method(0, Filer.types(INT, INT, INT, INT), 8, 8,
+            3, 3, 4, 7, 3, 7, 3, 0, 3, 1, 3, 2, 3, 3, 3, 0, 6, 6, 7, 5, 5, 7, 2, 4, 6, 49).loaded();
+        mill.start(10, 20, 30, 40);
+        mill.run(2);
+        check.due("LOCAL 7", 40, mill.local(0, 7));
+        check.due("nothing on the STACK", 0, mill.frame(0, 3));
+        mill.run(8);
+        stackIs("a full STACK", mill, 40, 10, 20, 30, 40, 10, 10, 10);
+        mill.run(1);
+        stackIs("7 of the same", mill, 40, 10, 20, 30, 40, 10, 10, 10);
+        mill.run(2);
+        stackIs("5, 5", mill, 40, 10, 20, 30, 40, 10);
+        mill.run(1);
+        stackIs("7", mill, 40, 10, 20, 30, 10, 40);
+        mill.run(1);
+        check.says("2: > null");
+        stackIs("2", mill, 40, 10, 20, 30, 10, 40, 0);
+        mill.run(1);
+        check.due("LOCAL 6 is null", 0, mill.local(0, 6));
+        stackIs("4", mill, 40, 10, 20, 30, 10, 40);
+        for (int i = 0; i < 4; i++) {
+            check.due("LOCAL " + i + " stays", 10 * (i + 1), mill.local(0, i));
+        }
+    }
+
+    private static void stackIs(String what, TierMill mill, int... want) {
+        check.due(what + ": how many", want.length, mill.frame(0, 3));
+        for (int i = 0; i < want.length; i++) {
+            int at = 100 + i;
+            check.due(what + ": " + i, want[i], () -> mill.local(0, at));
+        }
+    }
+
+    /** Each of 8 FIELDS gets its own number: the others keep theirs. */
+    private static void fields() {
+        check.says("39 c f: x > its FIELD. 40 c f: x, y >, the FIELD of x becomes y.");
+        int[] code = {38, 1, 4, 0, 38, 1, 4, 1};
+        for (int f = 0; f < 8; f++) {
+            code = Filer.join(code, new int[] {3, 0, 0, 50 + f, 40, f < 4 ? 0 : 1, f});
+        }
+        for (int f = 0; f < 8; f++) {
+            code = Filer.join(code, new int[] {3, 0, 39, 1, f, 51});
+        }
+        TierMill mill = new Filer().cls(-1, INT, INT, INT, INT).cls(0, INT, INT, INT, INT)
+            .method(0, NO_TYPES, 2, 2, Filer.join(code, new int[] {49})).loaded();
+        mill.start(0, 0, 0, 0);
+        mill.run(4 + 3 * 8);
+        for (int f = 0; f < 8; f++) {
+            check.due("FIELD " + f, 50 + f, mill.part(0, 0, 2 + f));
+            check.due("FIELD " + f + " of another object", 0, mill.part(0, 1, 2 + f));
+        }
+        mill.run(3 * 8);
+        for (int f = 0; f < 8; f++) {
+            check.due("39 of FIELD " + f, 50 + f, mill.output(f));
+        }
+    }
+
+    private static void ints() {
+        check.says("42: x, i > INT i of x. 43: x, i, y >, that becomes y. 44: x > how many INTS it has.");
+        TierMill mill = new Filer().method(0, Filer.types(INT, INT), 3, 3,
+            3, 0, 41, 4, 2, 3, 2, 3, 1, 0, 9, 43, 3, 2, 3, 1, 42, 51, 3, 2, 44, 51, 49).loaded();
+        for (int length = 1; length <= 4; length++) {
+            for (int i = 0; i < length; i++) {
+                mill.start(length, i, 0, 0);
+                mill.run(7);
+                for (int k = 0; k < length; k++) {
+                    check.due("INT " + k + " of " + length, k == i ? 9 : 0, mill.part(0, 2, 2 + k));
+                }
+                mill.run(7);
+                check.due("42", 9, mill.output(0));
+                check.due("44", length, mill.output(1));
+            }
+        }
+    }
+
+    /** Eight classes one below the other; SELECTOR 0 (INT, INT, INT) of the last one is had by the first. */
+    private static void sending() {
+        check.says("48 s: x, the SELECTOR's PARAMETERS >, the METHOD that x's class has for it (or its SUPER, and so on) is called with all of these.");
+        Filer file = new Filer().cls(-1);
+        for (int c = 1; c < 8; c++) {
+            file.cls(c - 1);
+        }
+        file.sel(0, INT, INT, INT).method(0, NO_TYPES, 0, 5, 0, 8, 38, 7, 0, 1, 0, 2, 0, 3, 48, 0, 49)
+            .method(0, Filer.types(REF, INT, INT, INT), 5, 0, 49).row(1);
+        for (int c = 1; c < 8; c++) {
+            file.row(-1);
+        }
+        TierMill mill = file.loaded();
+        mill.start(0, 0, 0, 0);
+        mill.run(6);
+        check.due("METHOD 1", 1, mill.frame(0, 0));
+        check.due("x is its first PARAMETER", 7, mill.part(0, 0, 0));
+        for (int i = 1; i < 4; i++) {
+            check.due("PARAMETER " + i, i, mill.local(0, i));
+        }
+        check.due("what is left", 8, mill.local(1, 100));
+        check.due("and no more", 1, mill.frame(1, 3));
+        check.says("49: the METHOD returns.");
+        mill.run(1);
+        check.due("one FRAME", 1, mill.total(3));
+        check.due("nothing comes to the STACK", 1, mill.frame(0, 3));
+    }
+
     // ---- FRAMES
 
     /** METHOD 0 calls itself for ever, 2 STEPS each; a 48 would do so from METHOD 1. */
@@ -390,6 +498,10 @@ final class EdgeStepTest {
         sameOnes();
         choosing();
         objects();
+        moving();
+        fields();
+        ints();
+        sending();
         frames();
         calling();
         traps();

@@ -260,6 +260,72 @@ final class EdgeTierTest {
         }
     }
 
+    private static void profiles() {
+        check.says("A 47, 48 that a PLAIN FRAME does counts 1 in the SITE's PROFILE (of 48 that of x's class).");
+        TierMill mill = sending(1000, 1, 2, 1, 0, 1);
+        int[][] want = {{0, 0, 1}, {0, 1, 1}, {1, 1, 1}, {1, 2, 1}};
+        for (int round = 0; round < 4; round++) {
+            mill.run(ROUND);
+            for (int c = 0; c < 3; c++) {
+                check.due("48: class " + c, want[round][c], mill.profile(1, 2, c));
+            }
+            check.due("47", round + 1, mill.profile(0, 22, 0));
+        }
+        check.says("Each 47, 48 is a SITE, with a PROFILE for each class (47: one).");
+        check.due("a 47 has one", -1, mill.profile(0, 22, 1));
+        check.due("a 48 has three", -1, mill.profile(1, 2, 3));
+        check.due("no SITE", -1, mill.profile(1, 0, 0));
+        TierMill both = new Filer().method(0, NO_TYPES, 0, 0, 47, 1, 47, 1, 21, 0).method(0, NO_TYPES, 0, 0, 49)
+            .loaded();
+        both.start(0, 0, 0, 0);
+        both.run(3);
+        check.due("two SITES of one METHOD: the first", 1, both.profile(0, 0, 0));
+        check.due("two SITES of one METHOD: the second", 1, both.profile(0, 2, 0));
+        both.run(3);
+        check.due("the first one again", 2, both.profile(0, 0, 0));
+        check.due("not yet the second one", 1, both.profile(0, 2, 0));
+    }
+
+    private static void invocations() {
+        check.says("A call that a PLAIN FRAME does, or a COMPILED or INLINED one at a SITE that its PLAN has not INLINED there");
+        check.says("the new FRAME is COMPILED, if the METHOD is, else PLAIN");
+        // METHOD 1 calls METHOD 2, which calls METHOD 3 (too large for SIZE): 1 is COMPILED, 2 INLINED, 3 is neither.
+        TierMill mill = looping(47, 2, 49).method(0, NO_TYPES, 0, 0, 47, 3, 49)
+            .method(0, NO_TYPES, 0, 0, 49, 49, 49, 49).loaded();
+        mill.tiers(1000, 2, 4, 3);
+        mill.start(0, 0, 0, 0);
+        mill.run(2 * 7);
+        mill.tiers(3, 2, 4, 3);
+        mill.run(2);
+        mill.tiers(1000, 2, 4, 3);
+        mill.run(1);
+        int[] tiers = {PLAIN, INLINED, COMPILED, PLAIN};
+        for (int k = 0; k < 4; k++) {
+            check.due("FRAME " + k, tiers[k], mill.frame(k, 2));
+        }
+        check.due("COUNT of METHOD 3, by an INLINED FRAME", 3, mill.method(3, 0));
+        check.due("COUNT of METHOD 2", 2, mill.method(2, 0));
+        check.due("an INLINED FRAME counts no PROFILE", 2, mill.profile(2, 0, 0));
+        check.due("a COMPILED FRAME counts no PROFILE", 2, mill.profile(1, 0, 0));
+        mill.tiers(4, 2, 0, 0);
+        mill.run(4 + 3);
+        check.due("METHOD 3 by an INLINED FRAME again", 4, mill.method(3, 0));
+        check.due("COMPILED by it", COMPILED, mill.frame(0, 2));
+        check.due("the INLINED one", INLINED, mill.frame(1, 2));
+    }
+
+    /** A PLAN's SITES by PLACES, also those that no way comes to any more: what was counted before counts. */
+    private static void byPlaces() {
+        check.says("its INSTRUCTIONS are gone through by PLACES (all of them)");
+        // METHOD 1 jumps to PLACE 5 first, where it calls METHOD 3, then back to PLACE 2, where it calls METHOD 2.
+        TierMill mill = looping(21, 5, 47, 2, 49, 47, 3, 21, 2).method(0, NO_TYPES, 0, 0, 49)
+            .method(0, NO_TYPES, 0, 0, 49).loaded();
+        mill.tiers(2, 1, 4, 120);
+        mill.start(0, 0, 0, 0);
+        mill.run(9 + 1);
+        planned(mill, "by PLACES, not by the way", 1, row(0, 1, 2, -1, 2), row(0, 1, 5, -1, 3));
+    }
+
     private static void depth() {
         check.says("if it is less than DEPTH deep (those of the METHOD itself are 0 deep)");
         for (int depth = 0; depth <= 4; depth++) {
@@ -387,6 +453,7 @@ final class EdgeTierTest {
         }
         planned(mill, "300", 1, row(0, 1, 0, -1, 2), row(1, 2, 0, -1, 3), row(2, 3, 0, -1, 4));
         logged(mill, "300", mill.total(4) - 1, 1, mill.total(0) - 1, 1, 3, 5 + 84 + 82 + 80);
+        check.says("A call at a SITE that is INLINED there (in the COMPILED FRAME's METHOD, or in what the FRAME is INLINED for)");
         check.due("FRAME", COMPILED, mill.frame(0, 2));
         int[][] walk = {{2, INLINED}, {3, INLINED}, {4, INLINED}};
         for (int[] w : walk) {
@@ -553,6 +620,69 @@ final class EdgeTierTest {
         check.due("the old one", PLAIN, mill.frame(1, 2));
     }
 
+    /**
+     * METHOD 1 (REF, INT) calls itself with INT - 1 unless it is 0; it sends to its REF; if the input is not 0, it calls
+     * itself with a new object of class 0. METHOD 0 does so with class 0 and 0 twice, then with class 1 and 2.
+     */
+    private static TierMill three(int input) {
+        TierMill mill = new Filer().cls(-1).cls(0).sel(0)
+            .method(0, NO_TYPES, 0, 2, 38, 0, 0, 0, 47, 1, 38, 0, 0, 0, 47, 1, 38, 1, 0, 2, 47, 1, 49)
+            .method(0, Filer.types(REF, INT), 2, 3,
+                3, 1, 22, 13, 3, 0, 3, 1, 0, 1, 9, 47, 1, 3, 0, 48, 0, 52, 22, 26, 38, 0, 0, 0, 47, 1, 49)
+            .method(0, Filer.types(REF), 1, 0, 49)
+            .row(2).row(-1).loaded();
+        mill.tiers(3, 2, 1, 40);
+        mill.start(0, 0, 0, 0);
+        mill.run(2 * 11);
+        mill.give(input);
+        mill.run(3 + 2 * 7 + 3);
+        planned(mill, "METHOD 1", 1, row(0, 1, 15, 0, 2));
+        for (int k = 0; k < 3; k++) {
+            check.due("three FRAMES with this PLAN", COMPILED, mill.frame(k, 2));
+        }
+        mill.run(1);
+        check.due("the first GUARD FAILED", 2, mill.log(1, 0));
+        check.due("not COMPILED any more", 0, mill.method(1, 1));
+        check.due("COUNT is 0", 0, mill.method(1, 0));
+        check.due("this FRAME is PLAIN", PLAIN, mill.frame(1, 2));
+        return mill;
+    }
+
+    /** The next FRAME, with the same PLAN, sends to the object of class 1 in its turn. */
+    private static void secondGuard(TierMill mill, int steps, int count, int compiled) {
+        mill.run(steps);
+        check.due("at its 48", 15, mill.frame(0, 1));
+        check.due("COUNT ahead of it", count, mill.method(1, 0));
+        int entries = mill.total(4);
+        int profile = mill.profile(1, 15, 1);
+        check.says("A FRAME is PLAIN, COMPILED (with a PLAN, which it keeps), or INLINED.");
+        check.due("the next FRAME keeps its PLAN", COMPILED, mill.frame(0, 2));
+        mill.run(1);
+        check.due("by which its GUARD FAILS", 2, mill.log(entries, 0));
+        check.due("METHOD of the COMPILED FRAME", 1, mill.log(entries, 2));
+        check.due("it becomes PLAIN", PLAIN, mill.frame(1, 2));
+        check.due("the last one is COMPILED yet", COMPILED, mill.frame(2, 2));
+        check.says("if its METHOD is COMPILED with this same PLAN yet");
+        check.due("COUNT stays", count, mill.method(1, 0));
+        check.due("COMPILED stays", compiled, mill.method(1, 1));
+        check.says("(it counts in the PROFILE, is an INVOCATION; a METHOD that was COMPILED anew meanwhile, with another PLAN, stays so, with its COUNT)");
+        check.due("it counts in the PROFILE", profile + 1, mill.profile(1, 15, 1));
+        check.due("one ENTRY", entries + 1, mill.total(4));
+    }
+
+    private static void oldPlans() {
+        secondGuard(three(0), 4 + 1, 0, 0);
+        secondGuard(three(1), 1 + 2 + 3 + 8 + 1 + 1, 1, 0);
+        TierMill mill = three(1);
+        mill.tiers(1, 2, 1, 40);
+        mill.run(1 + 2 + 3);
+        check.due("COMPILED anew", 1, mill.method(1, 1));
+        check.due("its new FRAME", COMPILED, mill.frame(0, 2));
+        planned(mill, "of two classes none is INLINED", 1);
+        secondGuard(mill, 8 + 1 + 1, 1, 1);
+        planned(mill, "it keeps its new PLAN", 1);
+    }
+
     // ---- THE LOG
 
     private static void fullLog() {
@@ -598,6 +728,9 @@ final class EdgeTierTest {
         inlinedJumps();
         samples();
         guards();
+        profiles();
+        invocations();
+        byPlaces();
         depth();
         size();
         together();
@@ -607,6 +740,7 @@ final class EdgeTierTest {
         guardFails();
         guardAndFrames();
         anewAtOnce();
+        oldPlans();
         fullLog();
         stepsOfTheRun();
         check.end();
