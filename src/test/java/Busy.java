@@ -64,4 +64,31 @@ final class Busy {
         mill.start(0, 0, 0, 0);
         mill.run(20);
     }
+
+    /** Almost as much of all as a FILE may have, with an INSTRUCTION at each PLACE. */
+    static Filer large() {
+        Filer file = new Filer().cls(-1, INT, INT, ARRAY, REF + 7).cls(0, INT, INT, ARRAY, REF + 7);
+        for (int c = 2; c < 8; c++) {
+            file.cls(1);
+        }
+        int[] three = {REF + 7, REF + 7, REF + 7};
+        for (int s = 0; s < 8; s++) {
+            file.sel(REF + 7, three);
+        }
+        for (int m = 0; m < 16; m++) {
+            file.method(REF + 7, Filer.join(new int[] {REF}, three), 8, 8, Filer.join(new int[] {2}, filled(69, 50)));
+        }
+        for (int c = 0; c < 8; c++) {
+            file.row(15, 14, 13, 12, 11, 10, 9, 8);
+        }
+        return file;
+    }
+
+    /** An object that had large FILES before: nothing of them may be seen in the next one. */
+    static TierMill used() {
+        TierMill mill = new TierMill();
+        large().loadInto(mill);
+        large().loadInto(mill);
+        return mill;
+    }
 }

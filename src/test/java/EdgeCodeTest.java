@@ -18,25 +18,32 @@ final class EdgeCodeTest {
             .row(-1, -1).row(-1, -1).row(-1, -1);
     }
 
-    private static TierMill loading(int... code) {
-        TierMill mill = new TierMill();
-        Filer.putAll(mill, filer(code).bytes());
-        Check.answered(mill::load);
-        return mill;
+    /** A new object, and one that had other FILES before. */
+    private static TierMill[] objects() {
+        return new TierMill[] {new TierMill(), Busy.used()};
     }
 
     private static void wrong(String what, int place, int... code) {
-        TierMill mill = new TierMill();
-        Filer.putAll(mill, filer(code).bytes());
-        check.due(what + ": load", Check.ARGUMENT, mill::load);
-        check.due(what + ": fault(0)", 2, mill.fault(0));
-        check.due(what + ": fault(1)", place, mill.fault(1));
-        check.due(what + ": fault(2)", 0, mill.fault(2));
+        wrongFile(what, place, filer(code));
+    }
+
+    private static void wrongFile(String what, int place, Filer file) {
+        for (TierMill mill : objects()) {
+            Filer.putAll(mill, file.bytes());
+            check.due(what + ": load", Check.ARGUMENT, mill::load);
+            check.due(what + ": fault(0)", 2, mill.fault(0));
+            check.due(what + ": fault(1)", place, mill.fault(1));
+            check.due(what + ": fault(2)", 0, mill.fault(2));
+        }
     }
 
     /** It may have a FAULT 3, but no FAULT 2. */
     private static void named(String what, int... code) {
-        check.due(what + " is no FAULT 2", true, loading(code).fault(0) % 3 == 0);
+        for (TierMill mill : objects()) {
+            Filer.putAll(mill, filer(code).bytes());
+            Check.answered(mill::load);
+            check.due(what + " is no FAULT 2", true, mill.fault(0) % 3 == 0);
+        }
     }
 
     private static int[] code(int... code) {
@@ -172,6 +179,7 @@ final class EdgeCodeTest {
         names("METHOD of 47", 3, code(47));
         names("SELECTOR of 48", 2, code(48));
         wrongWithout();
+        withTheMost();
         TierMill mill = new Filer().method(0, NO_TYPES, 8, 1, 0, 1, 4, 7, 49).loaded();
         check.due("LOCAL 7 of 8", INT, mill.kind(0, 4, 7));
     }
@@ -181,11 +189,43 @@ final class EdgeCodeTest {
         int[][] codes = {{3, 0, 49}, {4, 0, 49}, {20, 0, 1, 49}, {38, 0, 49}, {39, 0, 0, 49}, {40, 0, 0, 49},
             {45, 0, 49}, {46, 0, 49}, {48, 0, 49}, {47, 1, 49}};
         for (int[] code : codes) {
-            TierMill mill = new TierMill();
-            Filer.putAll(mill, new Filer().method(0, NO_TYPES, 0, 8, code).bytes());
-            check.due("none there: " + code[0], Check.ARGUMENT, mill::load);
-            check.due("none there: " + code[0] + ": kind", 2, mill.fault(0));
-            check.due("none there: " + code[0] + ": PLACE", 0, mill.fault(1));
+            wrongFile("none there: " + code[0], 0, new Filer().method(0, NO_TYPES, 0, 8, code));
+        }
+    }
+
+    /** With as many of all as there may be the last one is there, the next one is not. */
+    private static void withTheMost() {
+        int[][] named = {{3, 7}, {4, 7}, {20, 7, 1}, {38, 7}, {39, 7, 7}, {40, 7, 7}, {45, 7}, {46, 7}, {47, 15}, {48, 7}};
+        for (int[] op : named) {
+            for (int at = 1; at < op.length && (at == 1 || op[0] != 20); at++) {
+                for (int more = 0; more < 2; more++) {
+                    int[] code = Filer.join(op, code(49));
+                    code[at] += more;
+                    Filer file = new Filer().cls(-1, INT, INT, INT, INT).cls(0, INT, INT, INT, INT);
+                    for (int c = 2; c < 8; c++) {
+                        file.cls(1);
+                    }
+                    for (int k = 0; k < 8; k++) {
+                        file.sel(0);
+                    }
+                    file.method(0, NO_TYPES, 8, 8, code);
+                    for (int m = 1; m < 16; m++) {
+                        file.method(0, NO_TYPES, 0, 0, 49);
+                    }
+                    for (int c = 0; c < 8; c++) {
+                        file.row(-1, -1, -1, -1, -1, -1, -1, -1);
+                    }
+                    String what = op[0] + " names " + code[at];
+                    if (more == 1) {
+                        wrongFile(what, 0, file);
+                    } else {
+                        TierMill mill = new TierMill();
+                        Filer.putAll(mill, file.bytes());
+                        Check.answered(mill::load);
+                        check.due(what + " is no FAULT 2", 3, mill.fault(0) == 0 ? 3 : mill.fault(0));
+                    }
+                }
+            }
         }
     }
 

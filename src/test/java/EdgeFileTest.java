@@ -7,22 +7,29 @@ final class EdgeFileTest {
     private static final int[] LEAST_METHOD = {0, 0, 0, 0, 1, 49};
     private static final Check check = new Check();
 
+    /** A new object, and one that had other FILES before. */
+    private static TierMill[] objects() {
+        return new TierMill[] {new TierMill(), Busy.used()};
+    }
+
     private static void sound(String what, int methods, int... file) {
-        TierMill mill = new TierMill();
-        Filer.putAll(mill, file);
-        check.due(what + ": load", methods, mill::load);
-        check.due(what + ": fault(0)", 0, mill.fault(0));
-        check.due(what + ": fault(1)", 0, mill.fault(1));
-        check.due(what + ": fault(2)", 0, mill.fault(2));
+        for (TierMill mill : objects()) {
+            Filer.putAll(mill, file);
+            check.due(what + ": load", methods, mill::load);
+            check.due(what + ": fault(0)", 0, mill.fault(0));
+            check.due(what + ": fault(1)", 0, mill.fault(1));
+            check.due(what + ": fault(2)", 0, mill.fault(2));
+        }
     }
 
     private static void wrongByte(String what, int place, int... file) {
-        TierMill mill = new TierMill();
-        Filer.putAll(mill, file);
-        check.due(what + ": load", Check.ARGUMENT, mill::load);
-        check.due(what + ": fault(0)", 1, mill.fault(0));
-        check.due(what + ": fault(1)", place, mill.fault(1));
-        check.due(what + ": fault(2)", 0, mill.fault(2));
+        for (TierMill mill : objects()) {
+            Filer.putAll(mill, file);
+            check.due(what + ": load", Check.ARGUMENT, mill::load);
+            check.due(what + ": fault(0)", 1, mill.fault(0));
+            check.due(what + ": fault(1)", place, mill.fault(1));
+            check.due(what + ": fault(2)", 0, mill.fault(2));
+        }
     }
 
     private static int[] bytes(int... bytes) {
@@ -45,18 +52,48 @@ final class EdgeFileTest {
 
     // ---- how long
 
-    private static void length() {
-        check.says("THE FILE (at most 1500 bytes)");
-        Filer file = new Filer();
-        for (int m = 0; m < 11; m++) {
+    /** 1500 bytes; METHOD 0 calls the last one, whose INSTRUCTIONS have one byte each. */
+    private static Filer longest(int... end) {
+        Filer file = new Filer().method(0, NO_TYPES, 0, 0, Filer.join(bytes(47, 11, 49), filled(117, 49)));
+        for (int m = 1; m < 11; m++) {
             file.method(0, NO_TYPES, 0, 0, filled(120, 49));
         }
-        int[] most = file.method(0, NO_TYPES, 0, 0, filled(117, 49)).bytes();
-        check.due("bytes of the longest FILE", 1500, most.length);
-        sound("1500 bytes", 12, most);
-        int[] byteMore = file.bytes();
+        int[] code = filled(117 - end.length, 2);
+        for (int i = 1; i < code.length; i += 2) {
+            code[i] = 5;
+        }
+        return file.method(0, NO_TYPES, 1, 2, Filer.join(code, end));
+    }
+
+    private static void length() {
+        check.says("THE FILE (at most 1500 bytes)");
+        check.due("bytes of the longest FILE", 1500, longest(49).bytes().length);
+        sound("1500 bytes", 12, longest(49).bytes());
+        int[] byteMore = longest(49).bytes();
         byteMore[1500 - 118] = 118;
         wrongByte("1500 bytes of 1501", 1500, byteMore);
+        for (TierMill mill : objects()) {
+            longest(49).loadInto(mill);
+            check.due("the last PLACE", 0, mill.kind(11, 116, 0));
+            check.due("the one behind it", -1, mill.kind(11, 117, 0));
+            mill.tiers(1, 1, 4, 120);
+            mill.start(0, 0, 0, 0);
+            mill.run(2000);
+            check.due("it ENDS", 2, mill.state());
+            check.due("no SITE at the last PLACE", -1, mill.profile(11, 116, 0));
+            check.due("no SITE behind it", -1, mill.profile(11, 117, 0));
+            check.due("the last METHOD's bytes", 117, mill.log(1, 4));
+        }
+        int[][] ends = {{53}, {21, 117}, {22, 117}, {1, 0}, {0}, {20, 0}, {39, 0}, {54}};
+        for (int[] end : ends) {
+            for (TierMill mill : objects()) {
+                Filer.putAll(mill, longest(end).bytes());
+                check.due("ends with " + end[0], Check.ARGUMENT, mill::load);
+                check.due("ends with " + end[0] + ": kind", 2, mill.fault(0));
+                check.due("ends with " + end[0] + ": PLACE", 117 - end.length, mill.fault(1));
+                check.due("ends with " + end[0] + ": METHOD", 11, mill.fault(2));
+            }
+        }
     }
 
     // ---- classes
@@ -291,7 +328,8 @@ final class EdgeFileTest {
     /**
      * Class 1 below class 0, class 2 below class 1, class 3 apart; SELECTOR 0 (INT, REF 1) RETURNS REF 1. METHODS 1 to
      * 4 suit it for REF 0 to REF 3; 5 has one PARAMETER less, 6 one more, 7 and 8 have other TYPES (REF 2, REF 0 for
-     * REF 1), 9 to 11 RETURN something else, 12 and 13 have no REF first, 14 has the others in another order.
+     * REF 1), 9 to 11 RETURN something else, 12 and 13 have no REF first, 14 has the others in another order,
+     * 15 has ARRAY for INT.
      */
     private static Filer suiting(int... row) {
         Filer file = new Filer().cls(-1).cls(0).cls(1).cls(-1).sel(REF + 1, INT, REF + 1)
@@ -308,7 +346,8 @@ final class EdgeFileTest {
             .method(0, Filer.types(REF, INT, REF + 1), 3, 0, 49)
             .method(REF + 1, Filer.types(INT, INT, REF + 1), 3, 1, 2, 50)
             .method(REF + 1, Filer.types(ARRAY, INT, REF + 1), 3, 1, 2, 50)
-            .method(REF + 1, Filer.types(REF, REF + 1, INT), 3, 1, 2, 50);
+            .method(REF + 1, Filer.types(REF, REF + 1, INT), 3, 1, 2, 50)
+            .method(REF + 1, Filer.types(REF, ARRAY, REF + 1), 3, 1, 2, 50);
         for (int m : row) {
             file.row(m);
         }
@@ -320,7 +359,7 @@ final class EdgeFileTest {
         row[c] = method;
         int[] file = suiting(row).bytes();
         if (right) {
-            sound("METHOD " + method + " for class " + c, 15, file);
+            sound("METHOD " + method + " for class " + c, 16, file);
         } else {
             wrongByte("METHOD " + method + " for class " + c, file.length - 4 + c, file);
         }
@@ -338,7 +377,7 @@ final class EdgeFileTest {
             suited(c, 0, false);
         }
         check.says("whose others are those of the SELECTOR (the very same TYPES, as many)");
-        for (int m : bytes(5, 6, 7, 8, 14)) {
+        for (int m : bytes(5, 6, 7, 8, 14, 15)) {
             suited(0, m, false);
             suited(1, m, false);
         }
@@ -350,7 +389,7 @@ final class EdgeFileTest {
         int[] nothing = {1, 0, 0, 1, 0, 0, 1, 1, 16, 1, 1, 1, 3, 0, 1, 50, 1};
         wrongByte("RETURNS INT for nothing", 16, nothing);
         check.says("else 1 + a METHOD");
-        for (int m = 15; m < 255; m++) {
+        for (int m = 16; m < 255; m++) {
             suited(3, m, false);
         }
         int[] last = {1, 0, 0, 1, 0, 0, 1, 1, 16, 0, 1, 0, 1, 49, 1};

@@ -294,6 +294,34 @@ final class EdgeHeapTest {
         check.due("its INT 3", 9, mill.part(0, 100, 5));
     }
 
+    /** What is COLLECTED has an ARRAY of 0, null in LOCALS, on the STACK and in FIELDS, INTS and garbage. */
+    private static void nullsAndNothing() {
+        check.says("what LOCALS and STACKS of all FRAMES have whose KIND is not NO");
+        TierMill mill = kept(16, NO_TYPES, 38, 0, 5, 0, 0, 41, 4, 2, 2, 46, 0, 4, 3, 38, 0, 4, 4, 3, 4, 0, 1, 40, 0, 1,
+            3, 4, 3, 2, 40, 0, 2, 0, 7, 4, 5, 2, 0, 8, 38, 1, 38, 1, 5, 5, 50);
+        mill.run(21);
+        check.due("nothing was COLLECTED", 0, mill.total(4));
+        check.due("USED", 16, mill.total(5));
+        mill.run(1);
+        logged(mill, "COLLECTED", 0, 3, 21, 0, 16, 10);
+        check.due("USED then", 12, mill.total(5));
+        check.due("the ARRAY of 0", 2, mill.local(0, 2));
+        check.due("it is an ARRAY", 16, mill.part(0, 2, 0));
+        check.due("of 0", 0, mill.part(0, 2, 1));
+        check.due("null", 0, mill.local(0, 3));
+        check.due("null on the STACK", 0, mill.local(0, 100));
+        check.due("an INT on the STACK", 8, mill.local(0, 101));
+        check.due("an INT", 7, mill.local(0, 5));
+        check.due("the object", 3, mill.local(0, 4));
+        int[] parts = {0, 4, 0, 1, 2, 0};
+        for (int what = 0; what < parts.length; what++) {
+            check.due("the object's part " + what, parts[what], mill.part(0, 4, what));
+        }
+        check.due("null has no parts", Check.NO_ELEMENT, () -> mill.part(0, 3, 0));
+        check.due("the new one", 5, mill.local(0, 103));
+        check.due("the one before it", 4, mill.local(0, 102));
+    }
+
     public static void main(String[] args) {
         cells();
         numbers();
@@ -305,6 +333,7 @@ final class EdgeHeapTest {
         fields();
         chain();
         seenTheSame();
+        nullsAndNothing();
         check.end();
     }
 }

@@ -128,9 +128,12 @@ final class EdgeSightTest {
         check.due("number 499", LEAST + 498, () -> mill.output(499));
         mill.run(4);
         check.due("501 are put out", 501, mill.total(2));
+        check.due("number 500 is not kept", Check.NO_ELEMENT, () -> mill.output(500));
+        mill.run(4 * 2);
+        check.due("503 are put out", 503, mill.total(2));
         check.due("the first one is kept", GREATEST, () -> mill.output(0));
         check.due("number 499 is kept", LEAST + 498, () -> mill.output(499));
-        for (int k : new int[] {LEAST, -1, 500, 501, GREATEST}) {
+        for (int k : new int[] {LEAST, -1, 500, 501, 502, 503, GREATEST}) {
             check.due("output(" + k + ")", Check.NO_ELEMENT, () -> mill.output(k));
         }
         mill.start(3, 0, 0, 0);
@@ -295,6 +298,45 @@ final class EdgeSightTest {
         check.due("0 without a PLAN", 0, mill.method(0, 2));
         Busy.file().loadInto(mill);
         check.due("0 without a RUN again", 0, mill.method(1, 0) + mill.method(1, 1) + mill.method(1, 2));
+    }
+
+    /** As many METHODS as there may be: the last one is there, the next one is not, whatever FILES there were. */
+    private static void lastMethod() {
+        check.says("NONE if there is none such, or for another what; 0 without a RUN.");
+        TierMill mill = Busy.used();
+        Filer most = new Filer().method(0, NO_TYPES, 1, 0, 47, 15, 47, 15, 49);
+        for (int m = 1; m < 15; m++) {
+            most.method(0, NO_TYPES, 1, 0, 49);
+        }
+        most.method(0, NO_TYPES, 1, 0, 47, 14, 49).loadInto(mill);
+        mill.tiers(2, 1, 1, 120);
+        mill.start(0, 0, 0, 0);
+        mill.run(5);
+        int[] there = {0, 2, 1, 1, 0, 1};
+        int[] got = {mill.kind(15, 0, 0), mill.method(15, 0), mill.method(15, 1), mill.method(15, 2),
+            mill.inlined(15, 0, 0), mill.profile(15, 0, 0)};
+        for (int i = 0; i < 6; i++) {
+            check.due("METHOD 15 is there: " + i, there[i], got[i]);
+        }
+        for (int m : new int[] {16, 17}) {
+            noMethod(mill, m);
+        }
+        Busy.endless().loadInto(mill);
+        Busy.endless().loadInto(mill);
+        mill.tiers(1, 1, 1, 120);
+        mill.start(0, 0, 0, 0);
+        for (int m : new int[] {1, 2, 15, 16}) {
+            noMethod(mill, m);
+        }
+    }
+
+    private static void noMethod(TierMill mill, int m) {
+        for (int what = 0; what < 3; what++) {
+            check.due("method(" + m + ", " + what + ")", -1, mill.method(m, what));
+            check.due("inlined(" + m + ", 0, " + what + ")", -1, mill.inlined(m, 0, what));
+            check.due("kind(" + m + ", 0, " + what + ")", -1, mill.kind(m, 0, what));
+            check.due("profile(" + m + ", " + what + ", 0)", -1, mill.profile(m, what, 0));
+        }
     }
 
     private static void inlinedSites() {
@@ -472,6 +514,7 @@ final class EdgeSightTest {
         locals();
         parts();
         methods();
+        lastMethod();
         inlinedSites();
         profiles();
         logs();

@@ -249,7 +249,9 @@ final class EdgeStepTest {
         TierMill mill = new Filer().cls(-1, INT, INT, INT, INT).cls(0, INT, INT, INT, INT)
             .method(0, NO_TYPES, 2, 2, Filer.join(code, new int[] {49})).loaded();
         mill.start(0, 0, 0, 0);
-        mill.run(4 + 3 * 8);
+        mill.run(4 + 3);
+        check.due("nothing is left on the STACK", 0, mill.frame(0, 3));
+        mill.run(3 * 7);
         for (int f = 0; f < 8; f++) {
             check.due("FIELD " + f, 50 + f, mill.part(0, 0, 2 + f));
             check.due("FIELD " + f + " of another object", 0, mill.part(0, 1, 2 + f));
@@ -268,6 +270,7 @@ final class EdgeStepTest {
             for (int i = 0; i < length; i++) {
                 mill.start(length, i, 0, 0);
                 mill.run(7);
+                check.due("nothing is left on the STACK", 0, mill.frame(0, 3));
                 for (int k = 0; k < length; k++) {
                     check.due("INT " + k + " of " + length, k == i ? 9 : 0, mill.part(0, 2, 2 + k));
                 }
@@ -304,6 +307,28 @@ final class EdgeStepTest {
         mill.run(1);
         check.due("one FRAME", 1, mill.total(3));
         check.due("nothing comes to the STACK", 1, mill.frame(0, 3));
+    }
+
+    /** Two classes with eight SELECTORS each, all with METHODS of their own but for one that class 1 inherits. */
+    private static void selectors() {
+        check.says("the METHOD that x's class has for it (or its SUPER, and so on) is called");
+        for (int c = 0; c < 2; c++) {
+            for (int s = 0; s < 8; s++) {
+                Filer file = new Filer().cls(-1).cls(0);
+                for (int k = 0; k < 8; k++) {
+                    file.sel(INT);
+                }
+                file.method(INT, NO_TYPES, 0, 1, 38, c, 48, s, 50);
+                for (int m = 1; m < 16; m++) {
+                    file.method(INT, Filer.types(REF), 1, 1, 0, m, 50);
+                }
+                TierMill mill = file.row(1, 2, 3, 4, 5, 6, 7, 8).row(9, 10, 11, -1, 12, 13, 14, 15).loaded();
+                mill.start(0, 0, 0, 0);
+                mill.run(5);
+                int want = c == 0 || s == 3 ? 1 + s : s < 3 ? 9 + s : 8 + s;
+                check.due("SELECTOR " + s + " of class " + c, want, mill.result(1));
+            }
+        }
     }
 
     // ---- FRAMES
@@ -368,6 +393,29 @@ final class EdgeStepTest {
         check.due("behind the call", 8, mill.frame(0, 1));
         mill.run(9);
         check.due("all together", 10, mill.result(1));
+    }
+
+    /** METHOD 1 leaves what it has on its STACK: the next FRAME in its place begins without. */
+    private static void emptyStack() {
+        check.says("47, 48 make a FRAME at PLACE 0");
+        TierMill mill = filer(47, 1, 47, 1, 47, 2, 0, 1, 50).method(0, NO_TYPES, 1, 3, 2, 2, 0, 5, 49)
+            .method(0, NO_TYPES, 0, 1, 0, 6, 51, 49).loaded();
+        mill.start(0, 0, 0, 0);
+        for (int call = 0; call < 2; call++) {
+            mill.run(1);
+            check.due("METHOD 1's STACK at first", 0, mill.frame(0, 3));
+            mill.run(3);
+            check.due("METHOD 1's STACK at last", 3, mill.frame(0, 3));
+            check.due("its INT", 5, mill.local(0, 102));
+            mill.run(1);
+        }
+        mill.run(1);
+        check.due("METHOD 2's STACK at first", 0, mill.frame(0, 3));
+        mill.run(2);
+        check.due("what it puts out", 6, mill.output(0));
+        check.due("METHOD 2's STACK", 0, mill.frame(0, 3));
+        check.due("a new RUN", true, mill.start(0, 0, 0, 0));
+        check.due("its STACK", 0, mill.frame(0, 3));
     }
 
     // ---- TRAPS
@@ -502,8 +550,10 @@ final class EdgeStepTest {
         fields();
         ints();
         sending();
+        selectors();
         frames();
         calling();
+        emptyStack();
         traps();
         order();
         nullSent();

@@ -468,6 +468,99 @@ final class EdgeTierTest {
         check.due("with a FRAME of its own", COMPILED, mill.frame(0, 2));
     }
 
+    /** One SITE after the other, each with a METHOD of its own: all are INLINED, and each call finds its own. */
+    private static void siblings() {
+        check.says("A call at a SITE that is INLINED there");
+        TierMill mill = looping(47, 2, 47, 3, 47, 2, 47, 4, 49).method(0, NO_TYPES, 0, 0, 49)
+            .method(0, NO_TYPES, 0, 0, 47, 2, 47, 4, 49).method(0, NO_TYPES, 0, 0, 49).loaded();
+        mill.tiers(1000, 2, 2, 120);
+        mill.start(0, 0, 0, 0);
+        mill.run(2 * 15);
+        mill.tiers(3, 2, 2, 120);
+        mill.run(1);
+        planned(mill, "METHOD 1", 1, row(0, 1, 0, -1, 2), row(0, 1, 2, -1, 3), row(1, 3, 0, -1, 2),
+            row(1, 3, 2, -1, 4), row(0, 1, 4, -1, 2), row(0, 1, 6, -1, 4));
+        int[] calls = {2, 3, 2, 4, 2, 4};
+        int inlined = 0;
+        for (int step = 0; step < 13; step++) {
+            int before = mill.total(3);
+            mill.run(1);
+            if (mill.total(3) > before) {
+                check.due("METHOD of call " + inlined, calls[inlined], mill.frame(0, 0));
+                check.due("call " + inlined + " is INLINED", INLINED, mill.frame(0, 2));
+                inlined++;
+            }
+        }
+        check.due("calls", 6, inlined);
+        check.due("no INVOCATIONS", 6, mill.method(2, 0));
+    }
+
+    /** Eight classes; both SITES of METHOD 1 see class 7, or class 0. */
+    private static void eightClasses() {
+        check.says("if just one class has one above 0 (its GUARD)");
+        for (int c = 0; c < 8; c++) {
+            Filer file = new Filer().cls(-1);
+            for (int k = 1; k < 8; k++) {
+                file.cls(0);
+            }
+            file.sel(0).method(0, NO_TYPES, 0, 1, 38, c, 47, 1, 21, 0)
+                .method(0, Filer.types(REF), 1, 1, 3, 0, 48, 0, 3, 0, 48, 0, 49)
+                .method(0, Filer.types(REF), 1, 0, 49).row(2);
+            for (int k = 1; k < 8; k++) {
+                file.row(-1);
+            }
+            TierMill mill = file.loaded();
+            mill.tiers(3, 2, 2, 120);
+            mill.start(0, 0, 0, 0);
+            mill.run(2 * 10 + 2);
+            planned(mill, "class " + c, 1, row(0, 1, 2, c, 2), row(0, 1, 6, c, 2));
+            check.due("PROFILE of class " + c, 2, mill.profile(1, 6, c));
+            check.due("PROFILE of class " + (7 - c), 0, mill.profile(1, 6, 7 - c));
+            check.due("no PROFILE of class 8", -1, mill.profile(1, 6, 8));
+        }
+    }
+
+    /** As many SITES as a FILE may have, three times: each has its own PROFILE. */
+    private static void mostSites() {
+        check.says("Each 47, 48 is a SITE");
+        int[] calls = new int[120];
+        for (int i = 0; i < 118; i += 2) {
+            calls[i] = 47;
+            calls[i + 1] = 11;
+        }
+        calls[118] = 49;
+        calls[119] = 49;
+        Filer file = new Filer().method(0, NO_TYPES, 0, 0, 47, 1, 47, 10, 21, 0);
+        for (int m = 1; m < 11; m++) {
+            file.method(0, NO_TYPES, 0, 0, calls);
+        }
+        file.method(0, NO_TYPES, 0, 0, 49);
+        TierMill mill = new TierMill();
+        for (int load = 0; load < 5; load++) {
+            file.loadInto(mill);
+            mill.tiers(load < 4 ? 1000 : 3, 1, 1, 120);
+            mill.start(0, 0, 0, 0);
+            check.due("the last SITE's PROFILE at first", 0, mill.profile(10, 116, 0));
+            mill.run(2 * (2 + 2 * 59) + 1);
+            check.due("the first SITE", 1, mill.profile(1, 0, 0));
+            check.due("the last SITE", 1, mill.profile(10, 116, 0));
+            check.due("a SITE that was not come to", 0, mill.profile(9, 116, 0));
+            mill.start(0, 0, 0, 0);
+            check.due("a new RUN: the first SITE", 0, mill.profile(1, 0, 0));
+            check.due("a new RUN: the last SITE", 0, mill.profile(10, 116, 0));
+        }
+        mill.tiers(3, 1, 1, 120);
+        mill.start(0, 0, 0, 0);
+        mill.run(2 * (2 * 59 + 2 + 2 * 59 + 2 + 1) + 1);
+        check.due("59 SITES are INLINED", 59, mill.method(1, 2));
+        check.due("the first one's PLACE", 0, mill.inlined(1, 0, 2));
+        check.due("the last one's PLACE", 116, mill.inlined(1, 58, 2));
+        check.due("no SITE 59", -1, mill.inlined(1, 59, 2));
+        mill.run(2 * 58 + 1);
+        check.due("the last one is INLINED", INLINED, mill.frame(0, 2));
+        check.due("it is METHOD 11", 11, mill.frame(0, 0));
+    }
+
     private static void thirty() {
         check.says("(as long as not 30 have been in all RUNS)");
         int[] code = {};
@@ -583,6 +676,41 @@ final class EdgeTierTest {
         }
         check.due("METHOD 2", 2, mill.frame(0, 0));
         check.due("PROFILE of class 1", 1, mill.profile(1, 6, 1));
+    }
+
+    /** METHOD 1 hands its object on to METHOD 2, and so on; the last one of them sends to it: all are in one PLAN. */
+    private static TierMill handedOn(int deep) {
+        Filer file = new Filer().cls(-1).cls(0).sel(0)
+            .method(0, NO_TYPES, 0, 1, 38, 0, 47, 1, 38, 0, 47, 1, 38, 0, 47, 1, 38, 1, 47, 1, 49);
+        for (int m = 1; m <= deep; m++) {
+            file.method(0, Filer.types(REF), 1, 1, 3, 0, m < deep ? 47 : 48, m < deep ? m + 1 : 0, 49);
+        }
+        TierMill mill = file.method(0, Filer.types(REF), 1, 0, 49).row(deep + 1).row(-1).loaded();
+        mill.tiers(3, 2, 4, 120);
+        mill.start(0, 0, 0, 0);
+        return mill;
+    }
+
+    private static void guardDeepWithin() {
+        check.says("the COMPILED FRAME and those INLINED within it become PLAIN");
+        for (int deep = 1; deep <= 4; deep++) {
+            TierMill mill = handedOn(deep);
+            mill.run(3 * (2 + 3 * deep + 1) + 2 + 2 * (deep - 1) + 1);
+            check.due("METHOD " + deep, deep, mill.frame(0, 0));
+            for (int k = 0; k < deep; k++) {
+                check.due("ahead of it: FRAME " + k, k == deep - 1 ? COMPILED : INLINED, mill.frame(k, 2));
+            }
+            mill.run(1);
+            logged(mill, "the GUARD", 1, 2, mill.total(0) - 1, 1, deep, 2);
+            check.due("the METHOD that is called is HOT", COMPILED, mill.frame(0, 2));
+            for (int k = 1; k <= deep + 1; k++) {
+                check.due("FRAME " + k, PLAIN, mill.frame(k, 2));
+            }
+            check.due("METHOD 1", 0, mill.method(1, 1));
+            check.due("its COUNT", 0, mill.method(1, 0));
+            check.due("COUNT of METHOD " + deep, deep == 1 ? 0 : 2, mill.method(deep, 0));
+            check.due("PROFILE of class 1", 1, mill.profile(deep, 2, 1));
+        }
     }
 
     /** The METHOD that is called by the GUARD that FAILS is the very one whose PLAN is given up. */
@@ -735,10 +863,14 @@ final class EdgeTierTest {
         size();
         together();
         atOnce();
+        siblings();
+        eightClasses();
+        mostSites();
         thirty();
         inlinedCalls();
         guardFails();
         guardAndFrames();
+        guardDeepWithin();
         anewAtOnce();
         oldPlans();
         fullLog();

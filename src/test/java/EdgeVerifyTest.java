@@ -27,18 +27,31 @@ final class EdgeVerifyTest {
 
     private static final int METHODS = 9;
 
+    /** A new object, and one that had other FILES before. */
+    private static TierMill[] objects() {
+        return new TierMill[] {new TierMill(), Busy.used()};
+    }
+
+    private static TierMill loaded(Filer file) {
+        TierMill mill = Busy.used();
+        file.loadInto(mill);
+        return mill;
+    }
+
     private static void right(String what, Filer file) {
-        TierMill mill = new TierMill();
-        check.due(what, METHODS, () -> file.loadInto(mill));
+        for (TierMill mill : objects()) {
+            check.due(what, METHODS, () -> file.loadInto(mill));
+        }
     }
 
     private static void wrong(String what, int place, Filer file) {
-        TierMill mill = new TierMill();
-        Filer.putAll(mill, file.bytes());
-        check.due(what + ": load", Check.ARGUMENT, mill::load);
-        check.due(what + ": fault(0)", 3, mill.fault(0));
-        check.due(what + ": fault(1)", place, mill.fault(1));
-        check.due(what + ": fault(2)", 0, mill.fault(2));
+        for (TierMill mill : objects()) {
+            Filer.putAll(mill, file.bytes());
+            check.due(what + ": load", Check.ARGUMENT, mill::load);
+            check.due(what + ": fault(0)", 3, mill.fault(0));
+            check.due(what + ": fault(1)", place, mill.fault(1));
+            check.due(what + ": fault(2)", 0, mill.fault(2));
+        }
     }
 
     private static void judged(String what, boolean fit, int place, Filer file) {
@@ -208,6 +221,10 @@ final class EdgeVerifyTest {
                 filer(0, 3, 8, Filer.join(ahead, Filer.types(20, 2, 1, 49))));
             judged("4 to LOCAL " + kind, true, place, filer(0, 3, 8, Filer.join(ahead, Filer.types(2, 4, 2, 49))));
         }
+        wrong("3 of a LOCAL that is set later", 0, filer(0, 3, 8, Filer.types(3, 2, 5, 0, 1, 4, 2, 49)));
+        wrong("20 of a LOCAL that is set later", 0, filer(0, 3, 8, Filer.types(20, 2, 1, 0, 1, 4, 2, 49)));
+        right("3 of a LOCAL that is NO later", filer(0, 3, 8, new Coder().push('I').add(4, 2, 3, 2, 5)
+            .either("I", "N", 2).add(49).code()));
         wrong("3 of a LOCAL that was never set", 0, filer(0, 3, 8, Filer.types(3, 2, 49)));
         wrong("20 of a LOCAL that was never set", 0, filer(0, 3, 8, Filer.types(20, 2, 1, 49)));
     }
@@ -269,7 +286,7 @@ final class EdgeVerifyTest {
     private static void behindIs(String what, String kinds, char want, int... op) {
         Coder coder = new Coder().add(0, 5, 4, 1).push('A').leave(kinds, -1);
         int at = coder.place() + op.length;
-        TierMill mill = filer(0, 3, 8, coder.add(op).add(49).code()).loaded();
+        TierMill mill = loaded(filer(0, 3, 8, coder.add(op).add(49).code()));
         check.due(what, Coder.number(want), mill.kind(0, at, 101));
         check.due(what + ": no more", -1, mill.kind(0, at, 102));
         check.due(what + ": what is below it stays", ARRAY, mill.kind(0, at, 100));
@@ -319,7 +336,7 @@ final class EdgeVerifyTest {
                 behindIs("7 of " + other + " and " + kind + ", 5", "" + other + kind, kind, 7, 5);
             }
             Coder coder = new Coder().push(kind).add(4, 2, 3, 2, 6);
-            TierMill mill = filer(0, 3, 8, coder.add(49).code()).loaded();
+            TierMill mill = loaded(filer(0, 3, 8, coder.add(49).code()));
             int at = coder.place() - 1;
             check.due("3 of " + kind, Coder.number(kind), mill.kind(0, at - 1, 100));
             check.due("6 of " + kind + ": the lower one", Coder.number(kind), mill.kind(0, at, 100));
@@ -327,6 +344,65 @@ final class EdgeVerifyTest {
             check.says("the LOCAL of 4 becomes x's KIND");
             check.due("4 of " + kind, Coder.number(kind), mill.kind(0, at, 2));
             check.says("3, 6, 7: those that were");
+        }
+    }
+
+    private static void swapped() {
+        check.says("7: x, y > y, x");
+        for (char x : BUT_NO.toCharArray()) {
+            for (char y : BUT_NO.toCharArray()) {
+                Coder coder = new Coder().push('4').push(x).push(y).add(7, 49);
+                TierMill mill = loaded(filer(0, 3, 8, coder.code()));
+                int at = coder.place() - 1;
+                check.due("below both", Coder.number('4'), mill.kind(0, at, 100));
+                check.due("7 of " + x + " and " + y + ": the lower one", Coder.number(y), mill.kind(0, at, 101));
+                check.due("7 of " + x + " and " + y + ": the upper one", Coder.number(x), mill.kind(0, at, 102));
+            }
+        }
+    }
+
+    /** A full STACK of different KINDS, taken from the top and filled again with others. */
+    private static void deep() {
+        check.says("Behind an INSTRUCTION there is what was before, less what it takes, and what it puts");
+        String[] fills = {"INA43210", "01234ANI", "44444444", "IIIIIIII", "4I3A2N1I"};
+        for (String first : fills) {
+            for (String second : fills) {
+                for (int keep = 0; keep < 8; keep++) {
+                    Coder coder = new Coder().leave(first, -1);
+                    for (int i = keep; i < 8; i++) {
+                        coder.add(5);
+                    }
+                    int low = coder.place();
+                    coder.leave(second.substring(keep), -1);
+                    TierMill mill = loaded(filer(0, 3, 8, coder.add(49).code()));
+                    String all = first.substring(0, keep) + second.substring(keep);
+                    for (int i = 0; i < 8; i++) {
+                        int lower = i < keep ? Coder.number(first.charAt(i)) : -1;
+                        check.due(first + " to " + keep + ": " + i, lower, mill.kind(0, low, 100 + i));
+                        check.due(all + ": " + i, Coder.number(all.charAt(i)), mill.kind(0, coder.place() - 1, 100 + i));
+                    }
+                }
+            }
+        }
+    }
+
+    /** Eight LOCALS of different KINDS, one of which is set anew. */
+    private static void eightLocals() {
+        check.says("the LOCAL of 4 becomes x's KIND");
+        String first = "IANY4321";
+        for (int which = 0; which < 8; which++) {
+            for (char kind : BUT_NO.toCharArray()) {
+                Coder coder = new Coder();
+                for (int i = 0; i < 8; i++) {
+                    coder.leave("" + first.charAt(i), i);
+                }
+                coder.leave("" + kind, which);
+                TierMill mill = loaded(filer(0, 8, 8, coder.add(49).code()));
+                for (int i = 0; i < 8; i++) {
+                    check.due("LOCAL " + i, Coder.number(i == which ? kind : first.charAt(i)),
+                        mill.kind(0, coder.place() - 1, i));
+                }
+            }
         }
     }
 
@@ -352,25 +428,25 @@ final class EdgeVerifyTest {
                 String other = "" + ALL.charAt(b);
                 int want = Coder.number(JOINED[a].charAt(b));
                 Coder local = new Coder().either(one, other, 2);
-                TierMill mill = filer(0, 3, 8, local.add(49).code()).loaded();
+                TierMill mill = loaded(filer(0, 3, 8, local.add(49).code()));
                 check.due("LOCAL of " + one + " and " + other, want, mill.kind(0, local.place() - 1, 2));
                 Coder stack = new Coder().push('I').either(one, other, -1);
-                mill = filer(0, 3, 8, stack.add(49).code()).loaded();
+                mill = loaded(filer(0, 3, 8, stack.add(49).code()));
                 check.due("STACK of " + one + " and " + other, want, mill.kind(0, stack.place() - 1, 101));
             }
         }
         for (char kind : BUT_NO.toCharArray()) {
             Coder unset = new Coder().add(52, 22, 0).leave("" + kind, 2);
             unset.code()[2] = unset.place();
-            TierMill mill = filer(0, 3, 8, unset.add(49).code()).loaded();
+            TierMill mill = loaded(filer(0, 3, 8, unset.add(49).code()));
             check.due("LOCAL of " + kind + " and one that was not set", 0, mill.kind(0, unset.place() - 1, 2));
         }
     }
 
     private static void beginning() {
         check.says("At PLACE 0 the STACK is empty, the first LOCALS have the PARAMETERS' TYPES, the others NO.");
-        TierMill mill = new Filer().cls(-1).cls(0)
-            .method(0, Filer.types(ARRAY, REF + 1, INT, REF), 8, 8, 49).method(0, NO_TYPES, 8, 8, 49).loaded();
+        TierMill mill = loaded(new Filer().cls(-1).cls(0)
+            .method(0, Filer.types(ARRAY, REF + 1, INT, REF), 8, 8, 49).method(0, NO_TYPES, 8, 8, 49));
         int[] want = {ARRAY, REF + 1, INT, REF, 0, 0, 0, 0, -1};
         for (int i = 0; i < 9; i++) {
             check.due("LOCAL " + i, want[i], mill.kind(0, 0, i));
@@ -378,9 +454,9 @@ final class EdgeVerifyTest {
             check.due("STACK " + i, -1, mill.kind(0, 0, 100 + i));
         }
         check.says("Where several ways come together (at PLACE 0 the beginning, too)");
-        mill = new Filer().cls(-1).cls(0).cls(0)
+        mill = loaded(new Filer().cls(-1).cls(0).cls(0)
             .method(0, Filer.types(INT, ARRAY, REF + 1, REF + 1), 5, 1,
-                2, 4, 0, 2, 4, 1, 2, 4, 2, 38, 2, 4, 3, 2, 4, 4, 21, 0).loaded();
+                2, 4, 0, 2, 4, 1, 2, 4, 2, 38, 2, 4, 3, 2, 4, 4, 21, 0));
         int[] joined = {0, ARRAY, REF + 1, REF, 0};
         for (int i = 0; i < 5; i++) {
             check.due("LOCAL " + i + " at PLACE 0", joined[i], mill.kind(0, 0, i));
@@ -400,7 +476,7 @@ final class EdgeVerifyTest {
             coder.add(3, i - 1, 4, i);
         }
         coder.push('4').add(4, 0, 21, head);
-        TierMill mill = filer(0, 8, 8, coder.code()).loaded();
+        TierMill mill = loaded(filer(0, 8, 8, coder.code()));
         for (int i = 0; i < 8; i++) {
             check.due("LOCAL " + i + " after all rounds", REF, mill.kind(0, head, i));
             check.due("LOCAL " + i + " at PLACE 0", 0, mill.kind(0, 0, i));
@@ -421,6 +497,9 @@ final class EdgeVerifyTest {
         check.says("behind one that CLASHES, that takes more than there is, or after which the STACK would have more than it may, it CLASHES");
         wrong("takes more than there is", 2, filer(0, 1, 8, Filer.types(21, 3, 49, 5, 21, 2)));
         wrong("would have more than it may", 2, filer(0, 1, 1, Filer.types(21, 3, 49, 2, 2, 21, 2)));
+        wrong("would have more than it may, ahead of what takes it", 2,
+            filer(0, 1, 1, Filer.types(21, 5, 5, 5, 49, 2, 2, 21, 2)));
+        right("has as many as it may, ahead of what takes it", filer(0, 1, 2, Filer.types(21, 5, 5, 5, 49, 2, 2, 21, 2)));
         right("has as many as it may", filer(0, 1, 2, Filer.types(21, 3, 49, 2, 2, 21, 2)));
         wrong("takes more by 53", 2, filer(0, 1, 8, Filer.types(21, 3, 49, 53, 1, 2, 2)));
         wrong("takes more by 22", 2, filer(0, 1, 8, Filer.types(21, 3, 49, 22, 2, 49)));
@@ -483,8 +562,8 @@ final class EdgeVerifyTest {
 
     private static void kind() {
         check.says("NONE if there is none such, no INSTRUCTION begins there, it can't be come to, or there is no FILE.");
-        TierMill mill = new Filer().method(0, Filer.types(INT), 2, 2, 3, 0, 2, 49, 2, 49)
-            .method(0, NO_TYPES, 0, 0, 49).loaded();
+        TierMill mill = loaded(new Filer().method(0, Filer.types(INT), 2, 2, 3, 0, 2, 49, 2, 49)
+            .method(0, NO_TYPES, 0, 0, 49));
         int[] odd = {Integer.MIN_VALUE, Integer.MIN_VALUE + 100, -101, -100, -1, 2, 7, 8, 16, 99, 102, 107, 108, 200,
             Integer.MAX_VALUE - 100, Integer.MAX_VALUE};
         for (int i : odd) {
@@ -507,7 +586,7 @@ final class EdgeVerifyTest {
         Filer.putAll(faulty, new Filer().method(0, Filer.types(INT), 1, 1, 5, 49).bytes());
         check.due("a FILE with a FAULT", Check.ARGUMENT, faulty::load);
         check.due("a FILE with a FAULT is none", -1, faulty.kind(0, 0, 0));
-        TierMill full = new Filer().method(0, NO_TYPES, 8, 8, 0, 1, 0, 1, 0, 1, 0, 1, 0, 1, 0, 1, 0, 1, 2, 49).loaded();
+        TierMill full = loaded(new Filer().method(0, NO_TYPES, 8, 8, 0, 1, 0, 1, 0, 1, 0, 1, 0, 1, 0, 1, 0, 1, 2, 49));
         check.due("STACK 7 of 8", NULL, full.kind(0, 15, 107));
         check.due("STACK 8 of 8", -1, full.kind(0, 15, 108));
         check.due("LOCAL 7 of 8", 0, full.kind(0, 15, 7));
@@ -523,6 +602,9 @@ final class EdgeVerifyTest {
         heights();
         kindsBehind();
         kindsThatWere();
+        swapped();
+        deep();
+        eightLocals();
         joins();
         beginning();
         untilNothingChanges();
