@@ -236,6 +236,51 @@ final class EdgeStepTest {
         }
     }
 
+    /** What is on the STACK for an INSTRUCTION, it (-1: the PLACE behind it), and how many it puts in their place. */
+    private static final int[][][] STACKED = {
+        {{}, {0, 1}, {1}}, {{}, {1, 0, 1}, {1}}, {{}, {2}, {1}}, {{}, {3, 0}, {1}}, {{0, 1}, {4, 1}, {0}},
+        {{0, 1}, {5}, {0}}, {{0, 1}, {6}, {2}}, {{0, 1, 2}, {7}, {2}}, {{0, 8}, {19}, {1}}, {{}, {20, 0, 1}, {0}},
+        {{}, {21, -1}, {0}}, {{2}, {34, -1}, {0}}, {{2}, {35, -1}, {0}}, {{2, 2}, {36, -1}, {0}},
+        {{2, 2}, {37, -1}, {0}}, {{0, 1}, {53, 1, -1, -1}, {0}}, {{}, {38, 0}, {1}}, {{38, 0}, {39, 0, 0}, {1}},
+        {{38, 0, 2}, {40, 0, 2}, {0}}, {{0, 1}, {41}, {1}}, {{0, 1, 41, 0, 0}, {42}, {1}},
+        {{0, 1, 41, 0, 0, 0, 5}, {43}, {0}}, {{0, 1, 41}, {44}, {1}}, {{2}, {45, 0}, {1}}, {{38, 0}, {45, 0}, {1}},
+        {{2}, {46, 0}, {1}}, {{38, 0}, {46, 0}, {1}}, {{0, 1}, {51}, {0}}, {{}, {52}, {1}}};
+
+    private static void leaves(int[] ahead, int[] op, int puts) {
+        int[] before = Filer.join(new int[] {0, 77}, ahead);
+        int[] that = op.clone();
+        for (int i = 0; i < that.length; i++) {
+            that[i] = that[i] < 0 ? before.length + that.length : that[i];
+        }
+        TierMill mill = filer(Filer.join(Filer.join(before, that), new int[] {0, 0, 50})).loaded();
+        mill.start(0, 0, 0, 0);
+        for (int i = 0; i < 9 && mill.frame(0, 1) != before.length; i++) {
+            mill.run(1);
+        }
+        mill.run(1);
+        check.due(op[0] + " goes on behind it", before.length + op.length, mill.frame(0, 1));
+        check.due(op[0] + " puts " + puts, 1 + puts, mill.frame(0, 3));
+        check.due(op[0] + ": what was below stays", 77, mill.local(0, 100));
+        for (int i = 0; i < 9; i++) {
+            boolean isThere = mill.kind(0, before.length + op.length, 100 + i) != TierMill.NONE;
+            int at = 100 + i;
+            check.due(op[0] + ": " + i + " is there", isThere, Check.answered(() -> mill.local(0, at)) != Check.NO_ELEMENT);
+        }
+    }
+
+    private static void takesAndPuts() {
+        check.says("Ahead of > what it takes from the STACK (the last one on top), behind it what it puts there");
+        for (int[][] row : STACKED) {
+            leaves(row[0], row[1], row[2][0]);
+        }
+        for (int op = 8; op <= 18; op++) {
+            leaves(new int[] {0, 9, 0, 4}, new int[] {op}, 1);
+        }
+        for (int op = 22; op <= 33; op++) {
+            leaves(op < 28 ? new int[] {0, 9} : new int[] {0, 9, 0, 4}, new int[] {op, -1}, 0);
+        }
+    }
+
     /** Each of 8 FIELDS gets its own number: the others keep theirs. */
     private static void fields() {
         check.says("39 c f: x > its FIELD. 40 c f: x, y >, the FIELD of x becomes y.");
@@ -547,6 +592,7 @@ final class EdgeStepTest {
         choosing();
         objects();
         moving();
+        takesAndPuts();
         fields();
         ints();
         sending();

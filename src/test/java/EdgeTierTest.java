@@ -258,6 +258,46 @@ final class EdgeTierTest {
             check.due("PROFILE of class 1", 1, mill.profile(1, 2, 1));
             planned(mill, "two classes, of which one came once", 1);
         }
+        for (int first = 0; first < 3; first++) {
+            for (int second = 0; second < 3; second++) {
+                TierMill mill = sending(5, 3, first, second, second, second, 0);
+                mill.run(4 * ROUND + 5);
+                int called = first == 2 ? 3 : 2;
+                if (first == second) {
+                    planned(mill, "four times, above SAMPLES", 1, row(0, 1, 2, first, called));
+                } else {
+                    planned(mill, "once " + first + ", then three times " + second, 1);
+                }
+            }
+        }
+    }
+
+    /** The GUARD's METHOD for SELECTORS 0 to 7, for class 1 and for what it inherits from class 0. */
+    private static void guardOfSelector() {
+        check.says("the METHOD that is called (of 48: by the GUARD)");
+        for (int s = 0; s < 8; s++) {
+            for (int c = 0; c < 2; c++) {
+                Filer file = new Filer().cls(-1).cls(0);
+                for (int k = 0; k < 8; k++) {
+                    file.sel(0);
+                }
+                file.method(0, NO_TYPES, 0, 1, 38, c, 47, 1, 21, 0)
+                    .method(0, Filer.types(REF), 1, 1, 3, 0, 48, s, 49);
+                for (int m = 2; m < 16; m++) {
+                    file.method(0, Filer.types(REF), 1, 0, 49);
+                }
+                TierMill mill = file.row(2, 3, 4, 5, 6, 7, 8, 9).row(10, -1, 11, 12, 13, 14, 15, -1).loaded();
+                mill.tiers(3, 2, 2, 120);
+                mill.start(0, 0, 0, 0);
+                mill.run(2 * 7 + 2);
+                int own = s == 0 ? 10 : s + 9;
+                int called = c == 0 || s == 1 || s == 7 ? 2 + s : own;
+                planned(mill, "SELECTOR " + s + " of class " + c, 1, row(0, 1, 2, c, called));
+                mill.run(2);
+                check.due("METHOD", called, mill.frame(0, 0));
+                check.due("INLINED", INLINED, mill.frame(0, 2));
+            }
+        }
     }
 
     private static void profiles() {
@@ -856,6 +896,7 @@ final class EdgeTierTest {
         inlinedJumps();
         samples();
         guards();
+        guardOfSelector();
         profiles();
         invocations();
         byPlaces();

@@ -351,6 +351,10 @@ final class EdgeVerifyTest {
         check.says("7: x, y > y, x");
         for (char x : BUT_NO.toCharArray()) {
             for (char y : BUT_NO.toCharArray()) {
+                Coder two = new Coder().push(x).push(y).add(7, 49);
+                TierMill alone = loaded(filer(0, 3, 8, two.code()));
+                check.due("the lower one alone", Coder.number(y), alone.kind(0, two.place() - 1, 100));
+                check.due("the upper one alone", Coder.number(x), alone.kind(0, two.place() - 1, 101));
                 Coder coder = new Coder().push('4').push(x).push(y).add(7, 49);
                 TierMill mill = loaded(filer(0, 3, 8, coder.code()));
                 int at = coder.place() - 1;
@@ -497,8 +501,10 @@ final class EdgeVerifyTest {
         check.says("behind one that CLASHES, that takes more than there is, or after which the STACK would have more than it may, it CLASHES");
         wrong("takes more than there is", 2, filer(0, 1, 8, Filer.types(21, 3, 49, 5, 21, 2)));
         wrong("would have more than it may", 2, filer(0, 1, 1, Filer.types(21, 3, 49, 2, 2, 21, 2)));
+        // 22 would take the one too many, so that only the rule tells what is at PLACE 2.
         wrong("would have more than it may, ahead of what takes it", 2,
-            filer(0, 1, 1, Filer.types(21, 5, 5, 5, 49, 2, 2, 21, 2)));
+            filer(0, 1, 1, Filer.types(21, 4, 5, 49, 52, 52, 22, 2, 49)));
+        right("may have two, ahead of what takes one", filer(0, 1, 2, Filer.types(21, 4, 5, 49, 52, 52, 22, 2, 49)));
         right("has as many as it may, ahead of what takes it", filer(0, 1, 2, Filer.types(21, 5, 5, 5, 49, 2, 2, 21, 2)));
         right("has as many as it may", filer(0, 1, 2, Filer.types(21, 3, 49, 2, 2, 21, 2)));
         wrong("takes more by 53", 2, filer(0, 1, 8, Filer.types(21, 3, 49, 53, 1, 2, 2)));
