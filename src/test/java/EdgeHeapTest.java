@@ -223,6 +223,39 @@ final class EdgeHeapTest {
         collected("what the call took and is below it, too", kept(12, one, 38, 0, 6, 47, 1, 5, 0, 1, 50), 7, 12, 6);
     }
 
+    /** METHOD 0 has nothing; METHOD 1 makes an object, keeps it on its STACK or in a LOCAL, and makes another one. */
+    private static void latestFrame() {
+        check.says("what LOCALS and STACKS of all FRAMES have whose KIND is not NO");
+        int[][] codes = {{38, 0, 38, 0, 5, 5, 49}, {38, 0, 4, 0, 38, 0, 5, 49}, {38, 0, 5, 38, 0, 5, 49}};
+        int[] steps = {2, 3, 3};
+        int[] after = {6, 6, 0};
+        for (int i = 0; i < 3; i++) {
+            TierMill mill = new Filer().cls(-1, REF, INT, ARRAY, REF).method(0, NO_TYPES, 0, 0, 47, 1, 49)
+                .method(0, NO_TYPES, 1, 2, codes[i]).loaded();
+            mill.room(8);
+            mill.start(0, 0, 0, 0);
+            collected("METHOD 1's " + i, mill, steps[i], 6, after[i]);
+            check.due("METHOD", 1, mill.log(0, 2));
+        }
+    }
+
+    /** Three objects, two of them reached by several ways: each stays one. */
+    private static void reachedTwice() {
+        check.says("USED becomes the CELLS of all that can be REACHED");
+        TierMill mill = kept(18, NO_TYPES, 38, 0, 4, 2, 38, 0, 4, 3, 3, 3, 4, 4, 3, 2, 3, 3, 40, 0, 0, 3, 2, 3, 3, 40, 0, 3,
+            3, 3, 3, 2, 40, 0, 0, 38, 0, 5, 38, 0, 5, 3, 3, 3, 4, 36, 0, 0, 1, 50);
+        collected("two of three", mill, 17, 18, 12);
+        check.due("LOCAL 2", 1, mill.local(0, 2));
+        check.due("LOCAL 3", 2, mill.local(0, 3));
+        check.due("LOCAL 4", 2, mill.local(0, 4));
+        check.due("FIELD 0 of LOCAL 2", 2, mill.part(0, 2, 2));
+        check.due("FIELD 3 of LOCAL 2", 2, mill.part(0, 2, 5));
+        check.due("FIELD 0 of LOCAL 3", 1, mill.part(0, 3, 2));
+        check.due("FIELD 0 of LOCAL 4", 1, mill.part(0, 4, 2));
+        mill.run(4);
+        check.due("they are the same one", 0, mill.frame(0, 1));
+    }
+
     private static void fields() {
         check.says("and what FIELDS of such objects have");
         collected("FIELD 0", kept(12, NO_TYPES, 38, 0, 4, 2, 3, 2, 38, 0, 40, 0, 0, 38, 1, 5, 0, 1, 50), 5, 12, 12);
@@ -330,6 +363,8 @@ final class EdgeHeapTest {
         aboveEvenThen();
         localsAndStacks();
         framesThatCalled();
+        latestFrame();
+        reachedTwice();
         fields();
         chain();
         seenTheSame();

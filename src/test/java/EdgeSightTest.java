@@ -245,7 +245,31 @@ final class EdgeSightTest {
             check.due("part(0, " + i + ", 0)", none, () -> mill.part(0, i, 0));
         }
         check.due("no RUN", none, () -> new TierMill().part(0, 0, 0));
+        partsOfFrames();
         mostParts();
+    }
+
+    /** LOCAL 0 of METHOD 0 is an INT, that of METHOD 1 an object; its STACK has INTS, null and the object. */
+    private static void partsOfFrames() {
+        int none = Check.NO_ELEMENT;
+        TierMill mill = three();
+        int[] i = {0, 1, 7, 8, 100, 104, 105, 106, 107};
+        int[][] classes = {
+            {none, none, none, none, none, none, none, none, none},
+            {0, none, none, none, none, none, none, 0, none},
+            {none, none, none, none, none, none, none, none, none}};
+        for (int k = 0; k < 3; k++) {
+            for (int at = 0; at < i.length; at++) {
+                int kth = k;
+                int ith = i[at];
+                check.due("class of " + ith + " of FRAME " + k, classes[k][at], () -> mill.part(kth, ith, 0));
+                int parts = classes[k][at] == none ? none : 2;
+                check.due("FIELDS of " + ith + " of FRAME " + k, parts, () -> mill.part(kth, ith, 1));
+            }
+        }
+        check.due("its INT", 0, () -> mill.part(1, 0, 2));
+        check.due("its ARRAY", 0, () -> mill.part(1, 106, 3));
+        check.due("no FIELD 2", none, () -> mill.part(1, 106, 4));
     }
 
     private static void mostParts() {
@@ -434,6 +458,13 @@ final class EdgeSightTest {
             .method(0, Filer.types(REF), 1, 1, 3, 0, 48, 0, 49)
             .row(1).row(-1).loaded();
         mill.room(16);
+        for (int round = 0; round < 2; round++) {
+            entriesOf(mill);
+        }
+    }
+
+    /** In the second RUN, too, the STEPS are those of the RUN. */
+    private static void entriesOf(TierMill mill) {
         mill.start(0, 0, 0, 0);
         mill.run(2000);
         check.due("it has ENDED", 2, mill.state());

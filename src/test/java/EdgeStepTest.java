@@ -189,6 +189,17 @@ final class EdgeStepTest {
         check.due("45 of one BELOW it", 1, result(filer(38, 1, 45, 0, 50).loaded(), 0, 0));
         check.due("45 of its SUPER", 0, result(filer(38, 0, 45, 1, 50).loaded(), 0, 0));
         check.due("45 of one apart", 0, result(filer(38, 2, 45, 0, 50).loaded(), 0, 0));
+        check.says("46 c: x > x.");
+        TierMill cast = filer(38, 0, 4, 2, 38, 1, 46, 0, 46, 1, 3, 2, 46, 0, 2, 46, 2, 0, 1, 50).loaded();
+        cast.start(0, 0, 0, 0);
+        cast.run(4);
+        check.due("46 of the second object", 2, cast.local(0, 100));
+        cast.run(1);
+        check.due("46 again", 2, cast.local(0, 100));
+        check.due("it is what it was", 1, cast.part(0, 100, 0));
+        cast.run(4);
+        check.due("46 of the first object", 1, cast.local(0, 101));
+        check.due("46 of null", 0, cast.local(0, 102));
         check.says("52: > the next input (0 if there is none)");
         TierMill asking = filer(52, 52, 0, 10, 10, 8, 50).loaded();
         asking.give(3);
@@ -440,6 +451,29 @@ final class EdgeStepTest {
         check.due("all together", 10, mill.result(1));
     }
 
+    /** Each FRAME has another height when it calls: METHOD 0 one, METHOD 1 none, METHOD 2 two besides what is taken. */
+    private static void handingOn() {
+        check.says("47 m: the METHOD's PARAMETERS (the last one on top) >, it is called.");
+        TierMill mill = filer(0, 9, 0, 1, 0, 2, 47, 1, 50)
+            .method(0, TWO, 2, 4, 3, 0, 3, 1, 0, 3, 0, 4, 47, 2, 49)
+            .method(0, Filer.types(INT, INT, INT, INT), 4, 4, 0, 5, 0, 6, 3, 3, 3, 2, 47, 3, 49)
+            .method(0, TWO, 2, 0, 49).loaded();
+        mill.start(0, 0, 0, 0);
+        mill.run(4 + 5 + 5);
+        int[][] locals = {{4, 3}, {1, 2, 3, 4}, {1, 2}, {0, 0}};
+        int[] heights = {0, 2, 0, 1};
+        for (int k = 0; k < 4; k++) {
+            check.due("METHOD", 3 - k, mill.frame(k, 0));
+            check.due("STACK of METHOD " + (3 - k), heights[k], mill.frame(k, 3));
+            for (int i = 0; i < locals[k].length; i++) {
+                check.due("LOCAL " + i + " of METHOD " + (3 - k), locals[k][i], mill.local(k, i));
+            }
+        }
+        check.due("METHOD 2's STACK", 5, mill.local(1, 100));
+        check.due("METHOD 2's STACK", 6, mill.local(1, 101));
+        check.due("METHOD 0's STACK", 9, mill.local(3, 100));
+    }
+
     /** METHOD 1 leaves what it has on its STACK: the next FRAME in its place begins without. */
     private static void emptyStack() {
         check.says("47, 48 make a FRAME at PLACE 0");
@@ -599,6 +633,7 @@ final class EdgeStepTest {
         selectors();
         frames();
         calling();
+        handingOn();
         emptyStack();
         traps();
         order();

@@ -494,6 +494,9 @@ final class EdgeVerifyTest {
         check.says("If the STACKS are not of one height there, it CLASHES");
         wrong("one on the STACK, or none", 5, filer(0, 1, 8, Filer.types(52, 22, 5, 0, 1, 49)));
         wrong("two on the STACK, or one", 7, filer(0, 1, 8, Filer.types(2, 52, 22, 7, 0, 1, 2, 49)));
+        right("a way that ends with none, then one with one", filer(0, 1, 8, Filer.types(2, 52, 22, 7, 5, 49, 49, 5, 49)));
+        right("a way that ends with three, then one with one",
+            filer(0, 1, 8, Filer.types(2, 52, 22, 8, 2, 2, 49, 49, 5, 49)));
         right("one on the STACK, or one", filer(0, 1, 8, Filer.types(52, 22, 7, 0, 1, 21, 9, 0, 2, 49)));
         // At PLACE 2 all is right but that what comes to it CLASHES.
         int[] clash = {21, 3, 49, 52, 22, 8, 0, 1, 21, 2};
