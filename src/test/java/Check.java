@@ -39,12 +39,14 @@ final class Check {
         return text.replaceAll("\\s+", " ");
     }
 
-    /** What comes now tests this sentence, which must stand in the document word for word. */
+    /**
+     * What comes now tests this sentence. If the document has other words by now, that is told, but is no wrong answer:
+     * the test is to be looked at again.
+     */
     void says(String words) {
         sentence = words;
         if (!document.isEmpty() && !document.contains(plain(words))) {
-            wrong++;
-            System.out.println("the document does not say: " + words);
+            System.out.println("the document does not say any more: " + words);
         }
     }
 
