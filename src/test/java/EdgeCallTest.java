@@ -1,4 +1,4 @@
-/** The edges of the calls that change something, promises 1 to 10: a test of its own for each sentence that names one. */
+/** The edges of the calls that change something, promises 1 to 10: a test of its own for each sentence with one. */
 final class EdgeCallTest {
     private static final int INT = 1, ARRAY = 2, REF = 16;
     private static final int LEAST = Integer.MIN_VALUE, GREATEST = Integer.MAX_VALUE;
@@ -118,7 +118,8 @@ final class EdgeCallTest {
     // ---- promise 2
 
     private static void lowestBytes() {
-        check.says("The n (1 .. 8) lowest bytes of word, the highest first, come behind the bytes that are put together: true");
+        check.says("The n (1 .. 8) lowest bytes of word, the highest first, come behind the bytes that are put "
+            + "together: true");
         int[] file = Busy.giving(7).bytes();
         for (int n = 1; n <= 8; n++) {
             for (int fill = 0; fill < 2; fill++) {
@@ -186,7 +187,8 @@ final class EdgeCallTest {
     // ---- promise 3
 
     private static void loads() {
-        check.says("What was put together (it is empty then in any case) becomes the FILE (no RUN any more): how many METHODS.");
+        check.says("What was put together (it is empty then in any case) becomes the FILE (no RUN any more): how many "
+            + "METHODS.");
         TierMill mill = new TierMill();
         check.due("one METHOD", 1, () -> Busy.giving(3).loadInto(mill));
         check.due("it is empty then", Check.ARGUMENT, mill::load);
@@ -276,7 +278,8 @@ final class EdgeCallTest {
                 Check.answered(mill::load);
             }
         }
-        check.says("The FAULT of the latest load(), what 0: its kind (0 without), 1: its place (of kind 1 which byte, else the PLACE; 0 without), 2: the METHOD (0 of kind 1, or without).");
+        check.says("The FAULT of the latest load(), what 0: its kind (0 without), 1: its place (of kind 1 which byte, "
+            + "else the PLACE; 0 without), 2: the METHOD (0 of kind 1, or without).");
         Filer.putAll(mill, 0, 0, 7);
         check.due("kind 3 yet", 3, mill.fault(0));
         check.due("load", Check.ARGUMENT, mill::load);
@@ -292,7 +295,8 @@ final class EdgeCallTest {
     // ---- promises 6 to 8
 
     private static void tiers() {
-        check.says("HOT (1 .. 1000), SAMPLES (1 .. 1000), DEPTH (0 .. 4), SIZE (0 .. 120) from now on: true; false, changing nothing, for other numbers.");
+        check.says("HOT (1 .. 1000), SAMPLES (1 .. 1000), DEPTH (0 .. 4), SIZE (0 .. 120) from now on: true; false, "
+            + "changing nothing, for other numbers.");
         int[][] least = {{1, 1000}, {1, 1000}, {0, 4}, {0, 120}};
         for (int which = 0; which < 4; which++) {
             for (int side = 0; side < 2; side++) {
@@ -313,7 +317,8 @@ final class EdgeCallTest {
     }
 
     private static void rooms() {
-        check.says("Room for so many CELLS (8 .. 4000) in RUNS that begin from now on: true; false, changing nothing, for another number.");
+        check.says("Room for so many CELLS (8 .. 4000) in RUNS that begin from now on: true; false, changing nothing, "
+            + "for another number.");
         for (int cells : new int[] {LEAST, -8, -1, 0, 1, 7, 8, 9, 3999, 4000, 4001, 100000, GREATEST}) {
             boolean right = cells >= 8 && cells <= 4000;
             TierMill mill = Busy.endless().loaded();
@@ -344,7 +349,8 @@ final class EdgeCallTest {
     }
 
     private static void inputs() {
-        check.says("One input more, behind those that are left (they go on from RUN to RUN): true; false, changing nothing, if 100 are left.");
+        check.says("One input more, behind those that are left (they go on from RUN to RUN): true; false, changing "
+            + "nothing, if 100 are left.");
         Filer asks = new Filer().method(INT, NO_TYPES, 0, 1, 52, 50);
         TierMill mill = asks.loaded();
         for (int i = 0; i < 100; i++) {
@@ -449,7 +455,8 @@ final class EdgeCallTest {
         TierMill short3 = Busy.giving(1).loaded();
         short3.start(0, 0, 0, 0);
         check.due("no more than there are", 2, () -> short3.run(3));
-        check.says("IllegalArgumentException: another n; IllegalStateException (asked behind that): no RUN is under way");
+        check.says("IllegalArgumentException: another n; IllegalStateException (asked behind that): no RUN is under "
+            + "way");
         for (int n : new int[] {LEAST, -2000, -1, 0, 2001, 2002, 60000, GREATEST}) {
             check.due("run(" + n + ") under way", Check.ARGUMENT, () -> mill.run(n));
             check.due("run(" + n + ") without a RUN", Check.ARGUMENT, () -> new TierMill().run(n));
@@ -484,7 +491,8 @@ final class EdgeCallTest {
     }
 
     private static void stepsInAll() {
-        check.says("ArithmeticException, changing nothing: 60000 STEPS have been done in all RUNS, whatever FILES there were (if fewer than n are left, so many are done at most)");
+        check.says("ArithmeticException, changing nothing: 60000 STEPS have been done in all RUNS, whatever FILES "
+            + "there were (if fewer than n are left, so many are done at most)");
         for (int left : new int[] {0, 1, 2, 1999, 2000}) {
             TierMill mill = new TierMill();
             tired(mill, 60000 - left);

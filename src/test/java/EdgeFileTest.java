@@ -144,7 +144,8 @@ final class EdgeFileTest {
     }
 
     private static void fieldsInAll() {
-        check.says("A class has its SUPER's FIELDS, then its own, 8 at most (the number by which there are more is wrong).");
+        check.says("A class has its SUPER's FIELDS, then its own, 8 at most (the number by which there are more is "
+            + "wrong).");
         for (int first = 0; first <= 4; first++) {
             for (int second = 0; second <= 4; second++) {
                 for (int third = 0; third <= 5; third++) {
@@ -223,7 +224,8 @@ final class EdgeFileTest {
     private static void eachType() {
         check.says("TYPES that are told in a FILE are 1, 2, and 16 + c of any class that there is.");
         types("a FIELD", false, bytes(2, 0, 2, 1), all(bytes(0, 0, 0, 1), LEAST_METHOD));
-        types("a SELECTOR's PARAMETER", false, bytes(2, 0, 0, 0, 0, 1, 2, 1), all(bytes(0, 1), LEAST_METHOD, bytes(0, 0)));
+        types("a SELECTOR's PARAMETER", false, bytes(2, 0, 0, 0, 0, 1, 2, 1),
+            all(bytes(0, 1), LEAST_METHOD, bytes(0, 0)));
         types("a METHOD's PARAMETER", false, bytes(2, 0, 0, 0, 0, 0, 1, 2, 1), bytes(0, 2, 0, 1, 49));
         check.says("the TYPE that it RETURNS (or 0: nothing)");
         types("what a SELECTOR RETURNS", true, bytes(2, 0, 0, 0, 0, 1, 1, 1), all(bytes(1), LEAST_METHOD, bytes(0, 0)));
@@ -444,7 +446,7 @@ final class EdgeFileTest {
 
     // ---- FAULT 1
 
-    /** A FILE with all parts; ofCode tells for each byte whether it is one of a CODE. */
+    /** A FILE with all parts. */
     private static int[] rich() {
         return new Filer().cls(-1, INT, ARRAY).cls(0, REF + 1).sel(INT, INT).sel(0)
             .method(INT, Filer.types(INT), 2, 2, 3, 0, 50)

@@ -84,7 +84,8 @@ final class EdgeHeapTest {
     }
 
     private static void room() {
-        check.says("If USED and its CELLS together (as true numbers) are above the room, it is COLLECTED ahead of that");
+        check.says("If USED and its CELLS together (as true numbers) are above the room, it is COLLECTED ahead of "
+            + "that");
         for (int room : new int[] {8, 9, 10, 500, 3999, 4000}) {
             exactly(room, 3, room - 7, true);
             exactly(room, 3, room - 6, false);

@@ -8,7 +8,8 @@ final class EdgeSightTest {
     // ---- promises 11 and 12
 
     private static void states() {
-        check.says("0 no RUN, 1 under way, 2 ENDED (no FRAMES are there, all else is as it was), 3 over by a TRAP (FRAMES are as they were)");
+        check.says("0 no RUN, 1 under way, 2 ENDED (no FRAMES are there, all else is as it was), 3 over by a TRAP "
+            + "(FRAMES are as they were)");
         TierMill mill = new TierMill();
         check.due("a new object", 0, mill.state());
         Busy.giving(5).loadInto(mill);
@@ -58,7 +59,8 @@ final class EdgeSightTest {
     }
 
     private static void results() {
-        check.says("Of a RUN that is over, what 0: its TRAP (0 if it has ENDED), 1: what METHOD 0 RETURNED, if that was an INT and there was no TRAP (else 0). 0 if none is over; NONE for another what.");
+        check.says("Of a RUN that is over, what 0: its TRAP (0 if it has ENDED), 1: what METHOD 0 RETURNED, if that "
+            + "was an INT and there was no TRAP (else 0). 0 if none is over; NONE for another what.");
         TierMill mill = new TierMill();
         resultsAre("a new object", mill, 0, 0);
         Busy.giving(5).loadInto(mill);
@@ -106,7 +108,8 @@ final class EdgeSightTest {
     // ---- promise 13
 
     private static void outputs() {
-        check.says("The k-th number that was put out in this RUN (the first 500 are kept). NoSuchElementException: there is none such.");
+        check.says("The k-th number that was put out in this RUN (the first 500 are kept). NoSuchElementException: "
+            + "there is none such.");
         TierMill mill = new Filer().method(0, Filer.types(INT), 1, 1, 3, 0, 51, 20, 0, 1, 21, 0).loaded();
         for (int k : new int[] {LEAST, -1, 0, 1, GREATEST}) {
             check.due("output(" + k + ") without a RUN", Check.NO_ELEMENT, () -> mill.output(k));
@@ -161,7 +164,9 @@ final class EdgeSightTest {
     }
 
     private static void frames() {
-        check.says("Of the k-th FRAME from the latest one (0) on, what 0: its METHOD, 1: its PLACE, 2: 0 PLAIN, 1 COMPILED, 2 INLINED, 3: how many its STACK has (of one that called without what was taken). NONE if there is none such (or no RUN), or for another what.");
+        check.says("Of the k-th FRAME from the latest one (0) on, what 0: its METHOD, 1: its PLACE, 2: 0 PLAIN, 1 "
+            + "COMPILED, 2 INLINED, 3: how many its STACK has (of one that called without what was taken). NONE if "
+            + "there is none such (or no RUN), or for another what.");
         TierMill mill = three();
         int[][] want = {{2, 0, 0, 0}, {1, 19, 0, 7}, {0, 6, 0, 1}};
         for (int k = 0; k < 3; k++) {
@@ -187,7 +192,8 @@ final class EdgeSightTest {
     }
 
     private static void locals() {
-        check.says("LOCAL i of the k-th FRAME, or i - 100 of its STACK (0 the lowest): an INT, or the NUMBER of what it is (0 null). NoSuchElementException: there is none such, or its KIND is NO.");
+        check.says("LOCAL i of the k-th FRAME, or i - 100 of its STACK (0 the lowest): an INT, or the NUMBER of what "
+            + "it is (0 null). NoSuchElementException: there is none such, or its KIND is NO.");
         TierMill mill = three();
         int none = Check.NO_ELEMENT;
         int[] i = {0, 1, 2, 6, 7, 8, 99, 100, 101, 105, 106, 107, 108, 200, -1, -100, -101, LEAST, LEAST + 100,
@@ -215,7 +221,9 @@ final class EdgeSightTest {
     }
 
     private static void parts() {
-        check.says("Of the object or ARRAY that this is, what 0: its class, 16 of an ARRAY, 1: how many FIELDS or INTS it has, 2 + j: FIELD or INT j (as local() has it). NoSuchElementException: as there, or it is an INT or null, or there is no such what.");
+        check.says("Of the object or ARRAY that this is, what 0: its class, 16 of an ARRAY, 1: how many FIELDS or "
+            + "INTS it has, 2 + j: FIELD or INT j (as local() has it). NoSuchElementException: as there, or it is "
+            + "an INT or null, or there is no such what.");
         int none = Check.NO_ELEMENT;
         TierMill mill = new Filer().cls(-1).cls(-1, INT, ARRAY, REF + 1)
             .method(0, NO_TYPES, 8, 3,
@@ -291,7 +299,8 @@ final class EdgeSightTest {
     // ---- promises 17 to 21
 
     private static void methods() {
-        check.says("Of a METHOD of the FILE, what 0: its COUNT, 1: 1 if it is COMPILED, else 0, 2: how many SITES are INLINED in its PLAN (0 without). NONE if there is none such, or for another what; 0 without a RUN.");
+        check.says("Of a METHOD of the FILE, what 0: its COUNT, 1: 1 if it is COMPILED, else 0, 2: how many SITES are "
+            + "INLINED in its PLAN (0 without). NONE if there is none such, or for another what; 0 without a RUN.");
         TierMill mill = new TierMill();
         for (int m : new int[] {LEAST, -1, 0, 15, 16, GREATEST}) {
             check.due("no FILE", -1, mill.method(m, 0));
@@ -364,7 +373,9 @@ final class EdgeSightTest {
     }
 
     private static void inlinedSites() {
-        check.says("in the order in which they were), what 0: how deep it is, 1: the METHOD in which it is, 2: its PLACE, 3: its GUARD (NONE without), 4: the METHOD that is called. NONE if there is none such, or for another what.");
+        check.says("in the order in which they were), what 0: how deep it is, 1: the METHOD in which it is, 2: its "
+            + "PLACE, 3: its GUARD (NONE without), 4: the METHOD that is called. NONE if there is none such, or "
+            + "for another what.");
         TierMill mill = new TierMill();
         check.due("no FILE", -1, mill.inlined(0, 0, 0));
         Busy.file().loadInto(mill);
@@ -449,7 +460,9 @@ final class EdgeSightTest {
 
     /** One ENTRY of each kind: METHOD 2 is COMPILED with METHOD 3 in it, the heap is COLLECTED, a GUARD FAILS. */
     private static void entries() {
-        check.says("2: the METHOD that was COMPILED, that of the COMPILED FRAME, or the one that made what did not fit, 3: of 1 how many SITES were INLINED, of 2 the METHOD of the SITE, of 3 USED ahead of it, 4: of 1 its bytes of CODE with those of all INLINED ones, of 2 the SITE's PLACE, of 3 USED then.");
+        check.says("2: the METHOD that was COMPILED, that of the COMPILED FRAME, or the one that made what did not "
+            + "fit, 3: of 1 how many SITES were INLINED, of 2 the METHOD of the SITE, of 3 USED ahead of it, 4: of "
+            + "1 its bytes of CODE with those of all INLINED ones, of 2 the SITE's PLACE, of 3 USED then.");
         TierMill mill = new Filer().cls(-1).cls(0).sel(0)
             .method(0, NO_TYPES, 0, 1,
                 38, 0, 47, 2, 38, 0, 47, 2, 38, 0, 47, 2, 38, 1, 47, 2, 49)
@@ -480,7 +493,9 @@ final class EdgeSightTest {
     }
 
     private static void eachTotal() {
-        check.says("What 0: STEPS of this RUN, 1: STEPS in all, 2: numbers put out, 3: FRAMES, 4: ENTRIES of the LOG, 5: USED, 6: the latest NUMBER, 7: how many were COMPILED in all RUNS, 8: inputs that are left, 9: the room of this RUN.");
+        check.says("What 0: STEPS of this RUN, 1: STEPS in all, 2: numbers put out, 3: FRAMES, 4: ENTRIES of the LOG, "
+            + "5: USED, 6: the latest NUMBER, 7: how many were COMPILED in all RUNS, 8: inputs that are left, 9: "
+            + "the room of this RUN.");
         TierMill mill = new TierMill();
         Busy.alone(mill);
         // A loop has 20 STEPS, and makes an object (5 CELLS) and an ARRAY (4 CELLS); the fourth one's object does not

@@ -121,7 +121,7 @@ final class EdgeStepTest {
         }
     }
 
-    /** What is compared: null, an object of class 0, another one of it, an ARRAY of 0, another one, from LOCALS 2 to 5. */
+    /** Null, objects and ARRAYS, alone and in pairs; the same one by 6. */
     private static void sameOnes() {
         check.says("on at p if it is null, is not");
         int[][] ones = {{2}, {38, 0}, {38, 2}, {0, 0, 41}};
@@ -275,7 +275,8 @@ final class EdgeStepTest {
         for (int i = 0; i < 9; i++) {
             boolean isThere = mill.kind(0, before.length + op.length, 100 + i) != TierMill.NONE;
             int at = 100 + i;
-            check.due(op[0] + ": " + i + " is there", isThere, Check.answered(() -> mill.local(0, at)) != Check.NO_ELEMENT);
+            boolean isSeen = Check.answered(() -> mill.local(0, at)) != Check.NO_ELEMENT;
+            check.due(op[0] + ": " + i + " is there", isThere, isSeen);
         }
     }
 
@@ -339,7 +340,8 @@ final class EdgeStepTest {
 
     /** Eight classes one below the other; SELECTOR 0 (INT, INT, INT) of the last one is had by the first. */
     private static void sending() {
-        check.says("48 s: x, the SELECTOR's PARAMETERS >, the METHOD that x's class has for it (or its SUPER, and so on) is called with all of these.");
+        check.says("48 s: x, the SELECTOR's PARAMETERS >, the METHOD that x's class has for it (or its SUPER, and so "
+            + "on) is called with all of these.");
         Filer file = new Filer().cls(-1);
         for (int c = 1; c < 8; c++) {
             file.cls(c - 1);
@@ -389,7 +391,7 @@ final class EdgeStepTest {
 
     // ---- FRAMES
 
-    /** METHOD 0 calls itself for ever, 2 STEPS each; a 48 would do so from METHOD 1. */
+    /** METHOD 1 calls itself for ever, 2 STEPS each, by 47 or by 48. */
     private static Filer deep(boolean send) {
         return new Filer().cls(-1).sel(0)
             .method(0, NO_TYPES, 0, 1, 38, 0, 47, 1, 49)

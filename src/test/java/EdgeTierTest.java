@@ -157,7 +157,8 @@ final class EdgeTierTest {
     }
 
     private static void jumps() {
-        check.says("with each jump of a PLAIN FRAME (21 .. 37, 53, if it goes on at a PLACE told by it) to a PLACE that is not behind its own");
+        check.says("with each jump of a PLAIN FRAME (21 .. 37, 53, if it goes on at a PLACE told by it) to a PLACE "
+            + "that is not behind its own");
         for (int[][] jump : JUMPS) {
             int op = jump[0][0];
             check.due(op + " back", 2, counted(1000, jump[1], new int[] {op, 0}));
@@ -327,7 +328,8 @@ final class EdgeTierTest {
     }
 
     private static void invocations() {
-        check.says("A call that a PLAIN FRAME does, or a COMPILED or INLINED one at a SITE that its PLAN has not INLINED there");
+        check.says("A call that a PLAIN FRAME does, or a COMPILED or INLINED one at a SITE that its PLAN has not "
+            + "INLINED there");
         check.says("the new FRAME is COMPILED, if the METHOD is, else PLAIN");
         // METHOD 1 calls METHOD 2, which calls METHOD 3 (too large for SIZE): 1 is COMPILED, 2 INLINED, 3 is neither.
         TierMill mill = looping(47, 2, 49).method(0, NO_TYPES, 0, 0, 47, 3, 49)
@@ -472,7 +474,8 @@ final class EdgeTierTest {
     }
 
     private static void atOnce() {
-        check.says("then that METHOD's INSTRUCTIONS are gone through likewise at once, one deeper; then it goes on behind the SITE");
+        check.says("then that METHOD's INSTRUCTIONS are gone through likewise at once, one deeper; then it goes on "
+            + "behind the SITE");
         TierMill mill = branching(1).loaded();
         mill.tiers(2, 1, 3, 120);
         mill.start(0, 0, 0, 0);
@@ -485,7 +488,7 @@ final class EdgeTierTest {
         check.due("the SITE of METHOD 3 at depth 2", 2, mill.inlined(1, 2, 0));
         check.due("the SITE of METHOD 3 at depth 1", 1, mill.inlined(1, 5, 0));
         allInlined(mill, 2, 3, 4, 4, 3, 4);
-        // 84, 82 and 80 bytes: 2, then 3 and 4 within it, then 4 (too large), 3 (too large): the deeper ones come first.
+        // 84, 82 and 80 bytes: 2, then 3 and 4 within it; there is no room for 4 and 3 then: the deeper ones come first.
         mill = branching(80).loaded();
         mill.tiers(2, 1, 3, 120);
         mill.start(0, 0, 0, 0);
@@ -494,7 +497,8 @@ final class EdgeTierTest {
         }
         planned(mill, "300", 1, row(0, 1, 0, -1, 2), row(1, 2, 0, -1, 3), row(2, 3, 0, -1, 4));
         logged(mill, "300", mill.total(4) - 1, 1, mill.total(0) - 1, 1, 3, 5 + 84 + 82 + 80);
-        check.says("A call at a SITE that is INLINED there (in the COMPILED FRAME's METHOD, or in what the FRAME is INLINED for)");
+        check.says("A call at a SITE that is INLINED there (in the COMPILED FRAME's METHOD, or in what the FRAME is "
+            + "INLINED for)");
         check.due("FRAME", COMPILED, mill.frame(0, 2));
         int[][] walk = {{2, INLINED}, {3, INLINED}, {4, INLINED}};
         for (int[] w : walk) {
@@ -835,7 +839,8 @@ final class EdgeTierTest {
         check.says("if its METHOD is COMPILED with this same PLAN yet");
         check.due("COUNT stays", count, mill.method(1, 0));
         check.due("COMPILED stays", compiled, mill.method(1, 1));
-        check.says("(it counts in the PROFILE, is an INVOCATION; a METHOD that was COMPILED anew meanwhile, with another PLAN, stays so, with its COUNT)");
+        check.says("(it counts in the PROFILE, is an INVOCATION; a METHOD that was COMPILED anew meanwhile, with "
+            + "another PLAN, stays so, with its COUNT)");
         check.due("it counts in the PROFILE", profile + 1, mill.profile(1, 15, 1));
         check.due("one ENTRY", entries + 1, mill.total(4));
     }
@@ -877,7 +882,8 @@ final class EdgeTierTest {
     }
 
     private static void stepsOfTheRun() {
-        check.says("how many STEPS of the RUN had been done (ahead of the one in which it comes; ENTRY 3 comes with a TRAP 6, too)");
+        check.says("how many STEPS of the RUN had been done (ahead of the one in which it comes; ENTRY 3 comes with a "
+            + "TRAP 6, too)");
         TierMill mill = new Filer().method(0, ONE, 1, 1, 3, 0, 41, 5, 49).loaded();
         mill.room(8);
         mill.start(6, 0, 0, 0);

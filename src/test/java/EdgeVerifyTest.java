@@ -200,7 +200,8 @@ final class EdgeVerifyTest {
         returned("N2", REF + 2);
         returned("N3", REF + 3);
         returned("", 0);
-        check.says("A KIND is FIT as a TYPE, if it is that, NULL (but for INT), or a REF for a REF of a class that its own is BELOW.");
+        check.says("A KIND is FIT as a TYPE, if it is that, NULL (but for INT), or a REF for a REF of a class that "
+            + "its own is BELOW.");
         fit("N12", 47, 3);
         fit("I", 47, 1);
     }
@@ -425,7 +426,8 @@ final class EdgeVerifyTest {
         "XXXXXXXXXX"};
 
     private static void joins() {
-        check.says("of the same KIND that; of NULL and ARRAY, ANY or REF the other one; of two of REF, ANY: REF of the lowest class that both are or are BELOW, ANY without one; else NO.");
+        check.says("of the same KIND that; of NULL and ARRAY, ANY or REF the other one; of two of REF, ANY: REF of "
+            + "the lowest class that both are or are BELOW, ANY without one; else NO.");
         for (int a = 0; a < 9; a++) {
             for (int b = 0; b < 9; b++) {
                 String one = "" + ALL.charAt(a);
@@ -494,21 +496,24 @@ final class EdgeVerifyTest {
         check.says("If the STACKS are not of one height there, it CLASHES");
         wrong("one on the STACK, or none", 5, filer(0, 1, 8, Filer.types(52, 22, 5, 0, 1, 49)));
         wrong("two on the STACK, or one", 7, filer(0, 1, 8, Filer.types(2, 52, 22, 7, 0, 1, 2, 49)));
-        right("a way that ends with none, then one with one", filer(0, 1, 8, Filer.types(2, 52, 22, 7, 5, 49, 49, 5, 49)));
+        right("a way that ends with none, then one with one",
+            filer(0, 1, 8, Filer.types(2, 52, 22, 7, 5, 49, 49, 5, 49)));
         right("a way that ends with three, then one with one",
             filer(0, 1, 8, Filer.types(2, 52, 22, 8, 2, 2, 49, 49, 5, 49)));
         right("one on the STACK, or one", filer(0, 1, 8, Filer.types(52, 22, 7, 0, 1, 21, 9, 0, 2, 49)));
         // At PLACE 2 all is right but that what comes to it CLASHES.
         int[] clash = {21, 3, 49, 52, 22, 8, 0, 1, 21, 2};
         wrong("a jump that CLASHES, and what is behind it", 2, filer(0, 1, 8, clash));
-        check.says("behind one that CLASHES, that takes more than there is, or after which the STACK would have more than it may, it CLASHES");
+        check.says("behind one that CLASHES, that takes more than there is, or after which the STACK would have more "
+            + "than it may, it CLASHES");
         wrong("takes more than there is", 2, filer(0, 1, 8, Filer.types(21, 3, 49, 5, 21, 2)));
         wrong("would have more than it may", 2, filer(0, 1, 1, Filer.types(21, 3, 49, 2, 2, 21, 2)));
         // 22 would take the one too many, so that only the rule tells what is at PLACE 2.
         wrong("would have more than it may, ahead of what takes it", 2,
             filer(0, 1, 1, Filer.types(21, 4, 5, 49, 52, 52, 22, 2, 49)));
         right("may have two, ahead of what takes one", filer(0, 1, 2, Filer.types(21, 4, 5, 49, 52, 52, 22, 2, 49)));
-        right("has as many as it may, ahead of what takes it", filer(0, 1, 2, Filer.types(21, 5, 5, 5, 49, 2, 2, 21, 2)));
+        right("has as many as it may, ahead of what takes it",
+            filer(0, 1, 2, Filer.types(21, 5, 5, 5, 49, 2, 2, 21, 2)));
         right("has as many as it may", filer(0, 1, 2, Filer.types(21, 3, 49, 2, 2, 21, 2)));
         wrong("takes more by 53", 2, filer(0, 1, 8, Filer.types(21, 3, 49, 53, 1, 2, 2)));
         wrong("takes more by 22", 2, filer(0, 1, 8, Filer.types(21, 3, 49, 22, 2, 49)));
@@ -570,7 +575,8 @@ final class EdgeVerifyTest {
     // ---- kind()
 
     private static void kind() {
-        check.says("NONE if there is none such, no INSTRUCTION begins there, it can't be come to, or there is no FILE.");
+        check.says("NONE if there is none such, no INSTRUCTION begins there, it can't be come to, or there is no "
+            + "FILE.");
         TierMill mill = loaded(new Filer().method(0, Filer.types(INT), 2, 2, 3, 0, 2, 49, 2, 49)
             .method(0, NO_TYPES, 0, 0, 49));
         int[] odd = {Integer.MIN_VALUE, Integer.MIN_VALUE + 100, -101, -100, -1, 2, 7, 8, 16, 99, 102, 107, 108, 200,
