@@ -1,4 +1,3 @@
-import java.util.Arrays;
 import java.util.NoSuchElementException;
 
 /** A machine for classes and methods in bytes, with tiers; the words in capitals are those of the document. */
@@ -46,6 +45,7 @@ public final class TierMill {
     private static final int ENTRY_COMPILED = 1;
     private static final int ENTRY_GUARD = 2;
     private static final int ENTRY_COLLECTED = 3;
+    private static final int ENTRY_WIDTH = 5;
 
     private static final int TRAP_DIVISION = 1;
     private static final int TRAP_NULL = 2;
@@ -99,6 +99,7 @@ public final class TierMill {
     private static final int IN = 52;
     private static final int CHOOSE = 53;
 
+    private static final int CALL_BYTES = 2;
     /** How many bytes each INSTRUCTION but CHOOSE has. */
     private static final int[] SIZES = {
         2, 3, 1, 2, 2, 1, 1, 1,
@@ -132,12 +133,12 @@ public final class TierMill {
     private int roomToCome;
 
     public TierMill() {
-        reader = new Reader();
-        decoder = new Decoder();
-        verifier = new Verifier();
-        machine = new Machine();
         file = new Program();
         next = new Program();
+        reader = new Reader(next);
+        decoder = new Decoder(next);
+        verifier = new Verifier(next);
+        machine = new Machine(file);
         roomToCome = 500;
     }
 
@@ -146,7 +147,7 @@ public final class TierMill {
             return false;
         }
         for (int i = n - 1; i >= 0; i--) {
-            next.bytes[next.length] = (int) (word >>> 8 * i) & 255;
+            next.bytes.set(next.length, (int) (word >>> 8 * i) & 255);
             next.length++;
         }
         return true;
@@ -195,12 +196,12 @@ public final class TierMill {
         if (!hasFile || !file.begins(method, place)) {
             return NONE;
         }
-        Shape shape = file.methods[method];
+        Shape shape = file.methodAt(method);
         int at = shape.codeAt + place;
-        if (file.height[at] < 0) {
+        if (file.height.get(at) < 0) {
             return NONE;
         }
-        int slot = slotNumber(i, shape.locals, file.height[at]);
+        int slot = slotNumber(i, shape.locals, file.height.get(at));
         return slot == NONE ? NONE : file.kindAt(at, slot);
     }
 
@@ -246,9 +247,9 @@ public final class TierMill {
         if (!hasFile) {
             return false;
         }
-        Shape first = file.methods[0];
+        Shape first = file.methodAt(0);
         for (int i = 0; i < first.params; i++) {
-            if (first.types[i] != INT) {
+            if (first.types.get(i) != INT) {
                 return false;
             }
         }
@@ -269,7 +270,20 @@ public final class TierMill {
         if (left <= 0) {
             throw new ArithmeticException("60000 STEPS have been done");
         }
-        return machine.advance(Math.min(n, left));
+        int most = Math.min(n, left);
+        for (int done = 0; done < most; done++) {
+            if (machine.phase != UNDER_WAY) {
+                return done;
+            }
+            int trap = machine.step();
+            if (trap != 0) {
+                machine.stop(trap);
+                return done;
+            }
+            machine.steps++;
+            machine.stepsInAll++;
+        }
+        return most;
     }
 
     public int state() {
@@ -288,7 +302,7 @@ public final class TierMill {
         if (k < 0 || k >= machine.outputCount || k >= MOST_OUTPUTS) {
             throw new NoSuchElementException("no such number was put out or kept");
         }
-        return machine.outputs[k];
+        return machine.outputs.get(k);
     }
 
     public int frame(int k, int what) {
@@ -298,10 +312,10 @@ public final class TierMill {
             return NONE;
         }
         switch (what) {
-            case 0: return frames.methodOf[f];
-            case 1: return frames.place[f];
-            case 2: return frames.tier[f];
-            case 3: return frames.height[f];
+            case 0: return frames.methodOf.get(f);
+            case 1: return frames.place.get(f);
+            case 2: return frames.tier.get(f);
+            case 3: return frames.height.get(f);
             default: return NONE;
         }
     }
@@ -312,7 +326,7 @@ public final class TierMill {
         if (slot == NONE) {
             throw new NoSuchElementException("no such LOCAL, or its KIND is NO");
         }
-        int value = machine.frames.slots[f * Frames.SLOTS + slot];
+        int value = machine.frames.slots.get(f * Frames.SLOTS + slot);
         return machine.seen(value, machine.frames.kindOf(file, f, slot) == INT);
     }
 
@@ -322,7 +336,7 @@ public final class TierMill {
         if (slot == NONE || machine.frames.kindOf(file, f, slot) == INT) {
             throw new NoSuchElementException("no such LOCAL, its KIND is NO, or it is an INT");
         }
-        int ref = machine.frames.slots[f * Frames.SLOTS + slot];
+        int ref = machine.frames.slots.get(f * Frames.SLOTS + slot);
         if (ref == 0) {
             throw new NoSuchElementException("it is null");
         }
@@ -338,7 +352,7 @@ public final class TierMill {
             return parts;
         }
         int value = machine.heap.partOf(ref, what - 2);
-        return machine.seen(value, tag >= REF || file.fieldType[tag * MOST_FIELDS + what - 2] == INT);
+        return machine.seen(value, tag >= REF || file.typeOfField(tag, what - 2) == INT);
     }
 
     /** The slot of a FRAME that can be seen under this i: it is there, and its KIND is not NO. */
@@ -347,7 +361,7 @@ public final class TierMill {
             return NONE;
         }
         Frames frames = machine.frames;
-        int slot = slotNumber(i, file.methods[frames.methodOf[f]].locals, frames.height[f]);
+        int slot = slotNumber(i, file.methodAt(frames.methodOf.get(f)).locals, frames.height.get(f));
         if (slot == NONE || frames.kindOf(file, f, slot) == NO) {
             return NONE;
         }
@@ -360,7 +374,7 @@ public final class TierMill {
         }
         Plan plan = machine.tiers.planOfMethod(m);
         switch (what) {
-            case 0: return machine.tiers.counts[m];
+            case 0: return machine.tiers.counts.get(m);
             case 1: return plan == null ? 0 : 1;
             case 2: return plan == null ? 0 : plan.count;
             default: return NONE;
@@ -375,28 +389,27 @@ public final class TierMill {
         if (plan == null || k < 0 || k >= plan.count) {
             return NONE;
         }
-        return plan.rows[k * Plan.WIDTH + what];
+        return plan.rows.get(k * Plan.WIDTH + what);
     }
 
     public int profile(int m, int place, int c) {
         if (machine.phase == NO_RUN || !file.begins(m, place)) {
             return NONE;
         }
-        int at = file.methods[m].codeAt + place;
-        int site = file.siteAt[at];
+        int at = file.methodAt(m).codeAt + place;
+        int site = file.siteAt.get(at);
         if (site == NONE) {
             return NONE;
         }
-        int classes = file.bytes[at] == CALL ? 1 : file.classCount;
-        return c < 0 || c >= classes ? NONE : machine.tiers.profiles[site * MOST_CLASSES + c];
+        int classes = file.bytes.get(at) == CALL ? 1 : file.classCount;
+        return c < 0 || c >= classes ? NONE : machine.tiers.profiles.get(site * MOST_CLASSES + c);
     }
 
     public int log(int k, int what) {
-        Entries entries = machine.entries;
-        if (k < 0 || k >= entries.count || what < 0 || what >= Entries.WIDTH) {
+        if (k < 0 || k >= machine.entryCount || what < 0 || what >= ENTRY_WIDTH) {
             return NONE;
         }
-        return entries.rows[k * Entries.WIDTH + what];
+        return machine.entries.get(k * ENTRY_WIDTH + what);
     }
 
     public int total(int what) {
@@ -405,7 +418,7 @@ public final class TierMill {
             case 1: return machine.stepsInAll;
             case 2: return machine.outputCount;
             case 3: return machine.frames.depth;
-            case 4: return machine.entries.count;
+            case 4: return machine.entryCount;
             case 5: return machine.heap.used;
             case 6: return machine.heap.latest;
             case 7: return machine.tiers.planCount;
@@ -415,9 +428,42 @@ public final class TierMill {
         }
     }
 
+    private static int numberIn(int[] constants, int i) {
+        return i >= 0 && i < constants.length ? constants[i] : 0;
+    }
+
+    /** A row of numbers that can't be left: each index is tested before it is used, and beside the row there is 0. */
+    private static final class Row {
+        private final int[] numbers;
+
+        Row(int length) {
+            numbers = new int[Math.max(0, length)];
+        }
+
+        int get(int i) {
+            return i >= 0 && i < numbers.length ? numbers[i] : 0;
+        }
+
+        void set(int i, int value) {
+            if (i >= 0 && i < numbers.length) {
+                numbers[i] = value;
+            }
+        }
+
+        void add(int i, int more) {
+            set(i, get(i) + more);
+        }
+
+        void fill(int from, int end, int value) {
+            for (int i = from; i < end; i++) {
+                set(i, value);
+            }
+        }
+    }
+
     /** What a METHOD or a SELECTOR takes and RETURNS; a METHOD has LOCALS, a STACK and CODE besides. */
     private static final class Shape {
-        final int[] types;
+        final Row types;
         int params;
         int returns;
         int locals;
@@ -426,42 +472,42 @@ public final class TierMill {
         int codeLength;
 
         Shape() {
-            types = new int[MOST_PARAMS];
+            types = new Row(MOST_PARAMS);
         }
     }
 
     /** A FILE: its bytes, what they tell, and what was found out about each of them that begins an INSTRUCTION. */
     private static final class Program {
-        final int[] bytes;
+        final Row bytes;
         int length;
         int classCount;
-        final int[] superOf;
+        final Row superOf;
         /** Bit d is set for a class that is d or is BELOW it. */
-        final int[] above;
-        final int[] fieldCount;
-        final int[] fieldType;
+        final Row above;
+        final Row fieldCount;
+        final Row fieldType;
         int selectorCount;
-        final Shape[] selectors;
+        private final Shape[] selectors;
         int methodCount;
-        final Shape[] methods;
+        private final Shape[] methods;
         /** The METHOD that a class has for a SELECTOR, or NONE. */
-        final int[] table;
+        final Row table;
         /** How many bytes the INSTRUCTION has that begins at this byte (0: none begins). */
-        final int[] size;
-        final int[] siteAt;
+        final Row size;
+        final Row siteAt;
         int siteCount;
         /** How many the STACK has before the INSTRUCTION; below 0 if it can't be come to. */
-        final int[] height;
+        final Row height;
         /** KINDS before the INSTRUCTION, 8 bits for each LOCAL, NO where there is none. */
-        final long[] localKinds;
-        final long[] stackKinds;
+        private final long[] localKinds;
+        private final long[] stackKinds;
 
         Program() {
-            bytes = new int[MOST_BYTES];
-            superOf = new int[MOST_CLASSES];
-            above = new int[MOST_CLASSES];
-            fieldCount = new int[MOST_CLASSES];
-            fieldType = new int[MOST_CLASSES * MOST_FIELDS];
+            bytes = new Row(MOST_BYTES);
+            superOf = new Row(MOST_CLASSES);
+            above = new Row(MOST_CLASSES);
+            fieldCount = new Row(MOST_CLASSES);
+            fieldType = new Row(MOST_CLASSES * MOST_FIELDS);
             selectors = new Shape[MOST_SELECTORS];
             for (int s = 0; s < MOST_SELECTORS; s++) {
                 selectors[s] = new Shape();
@@ -470,28 +516,55 @@ public final class TierMill {
             for (int m = 0; m < MOST_METHODS; m++) {
                 methods[m] = new Shape();
             }
-            table = new int[MOST_CLASSES * MOST_SELECTORS];
-            size = new int[MOST_BYTES];
-            siteAt = new int[MOST_BYTES];
-            height = new int[MOST_BYTES];
+            table = new Row(MOST_CLASSES * MOST_SELECTORS);
+            size = new Row(MOST_BYTES);
+            siteAt = new Row(MOST_BYTES);
+            height = new Row(MOST_BYTES);
             localKinds = new long[MOST_BYTES];
             stackKinds = new long[MOST_BYTES];
         }
 
+        Shape methodAt(int m) {
+            return methods[m >= 0 && m < MOST_METHODS ? m : 0];
+        }
+
+        Shape selectorAt(int s) {
+            return selectors[s >= 0 && s < MOST_SELECTORS ? s : 0];
+        }
+
+        int typeOfField(int c, int f) {
+            return fieldType.get(c * MOST_FIELDS + f);
+        }
+
         boolean isOrBelow(int c, int d) {
-            return (above[c] >> d & 1) != 0;
+            return (above.get(c) >> d & 1) != 0;
         }
 
         boolean begins(int m, int place) {
             if (m < 0 || m >= methodCount) {
                 return false;
             }
-            Shape shape = methods[m];
-            return place >= 0 && place < shape.codeLength && size[shape.codeAt + place] != 0;
+            Shape shape = methodAt(m);
+            return place >= 0 && place < shape.codeLength && size.get(shape.codeAt + place) != 0;
+        }
+
+        long localKindsAt(int at) {
+            return at >= 0 && at < MOST_BYTES ? localKinds[at] : 0;
+        }
+
+        long stackKindsAt(int at) {
+            return at >= 0 && at < MOST_BYTES ? stackKinds[at] : 0;
+        }
+
+        void setKinds(int at, long ofLocals, long ofStack) {
+            if (at >= 0 && at < MOST_BYTES) {
+                localKinds[at] = ofLocals;
+                stackKinds[at] = ofStack;
+            }
         }
 
         int kindAt(int at, int slot) {
-            return slot < MOST_LOCALS ? kindIn(localKinds[at], slot) : kindIn(stackKinds[at], slot - MOST_LOCALS);
+            return slot < MOST_LOCALS ? kindIn(localKindsAt(at), slot) : kindIn(stackKindsAt(at), slot - MOST_LOCALS);
         }
 
         static int kindIn(long kinds, int i) {
@@ -508,6 +581,10 @@ public final class TierMill {
         private Program file;
         private int at;
         private int wrongAt;
+
+        Reader(Program program) {
+            file = program;
+        }
 
         int firstWrong(Program program) {
             file = program;
@@ -532,7 +609,7 @@ public final class TierMill {
                 wrongAt = file.length;
                 return low;
             }
-            int value = file.bytes[at];
+            int value = file.bytes.get(at);
             if (value < low || value > high) {
                 wrongAt = at;
                 return low;
@@ -553,31 +630,31 @@ public final class TierMill {
             file.classCount = take(0, MOST_CLASSES);
             for (int c = 0; c < file.classCount; c++) {
                 int parent = take(0, c) - 1;
-                int inherited = parent == NONE ? 0 : file.fieldCount[parent];
-                file.superOf[c] = parent;
-                file.above[c] = 1 << c | (parent == NONE ? 0 : file.above[parent]);
+                int inherited = parent == NONE ? 0 : file.fieldCount.get(parent);
+                file.superOf.set(c, parent);
+                file.above.set(c, 1 << c | (parent == NONE ? 0 : file.above.get(parent)));
                 for (int f = 0; f < inherited; f++) {
-                    file.fieldType[c * MOST_FIELDS + f] = file.fieldType[parent * MOST_FIELDS + f];
+                    file.fieldType.set(c * MOST_FIELDS + f, file.typeOfField(parent, f));
                 }
                 int fields = inherited + take(0, Math.min(4, MOST_FIELDS - inherited));
                 for (int f = inherited; f < fields; f++) {
-                    file.fieldType[c * MOST_FIELDS + f] = takeType(INT);
+                    file.fieldType.set(c * MOST_FIELDS + f, takeType(INT));
                 }
-                file.fieldCount[c] = fields;
+                file.fieldCount.set(c, fields);
             }
         }
 
         private void readSelectors() {
             file.selectorCount = take(0, MOST_SELECTORS);
             for (int s = 0; s < file.selectorCount; s++) {
-                readShape(file.selectors[s], 3);
+                readShape(file.selectorAt(s), 3);
             }
         }
 
         private void readShape(Shape shape, int mostParams) {
             shape.params = take(0, mostParams);
             for (int i = 0; i < shape.params; i++) {
-                shape.types[i] = takeType(INT);
+                shape.types.set(i, takeType(INT));
             }
             shape.returns = takeType(NOTHING);
         }
@@ -585,7 +662,7 @@ public final class TierMill {
         private void readMethods() {
             file.methodCount = take(1, MOST_METHODS);
             for (int m = 0; m < file.methodCount; m++) {
-                Shape shape = file.methods[m];
+                Shape shape = file.methodAt(m);
                 readShape(shape, MOST_PARAMS);
                 shape.locals = take(shape.params, MOST_LOCALS);
                 shape.stackMost = take(0, MOST_STACK);
@@ -602,14 +679,14 @@ public final class TierMill {
             for (int c = 0; c < file.classCount; c++) {
                 for (int s = 0; s < file.selectorCount; s++) {
                     int m = take(0, file.methodCount) - 1;
-                    if (m != NONE && !suits(c, file.selectors[s], file.methods[m])) {
+                    if (m != NONE && !suits(c, file.selectorAt(s), file.methodAt(m))) {
                         wrongAt = at - 1;
                     }
-                    int parent = file.superOf[c];
+                    int parent = file.superOf.get(c);
                     if (m == NONE && parent != NONE) {
-                        m = file.table[parent * MOST_SELECTORS + s];
+                        m = file.table.get(parent * MOST_SELECTORS + s);
                     }
-                    file.table[c * MOST_SELECTORS + s] = m;
+                    file.table.set(c * MOST_SELECTORS + s, m);
                 }
             }
         }
@@ -618,12 +695,12 @@ public final class TierMill {
             if (method.params != selector.params + 1 || method.returns != selector.returns) {
                 return false;
             }
-            int first = method.types[0];
+            int first = method.types.get(0);
             if (first < REF || !file.isOrBelow(c, first - REF)) {
                 return false;
             }
             for (int i = 0; i < selector.params; i++) {
-                if (method.types[i + 1] != selector.types[i]) {
+                if (method.types.get(i + 1) != selector.types.get(i)) {
                     return false;
                 }
             }
@@ -637,14 +714,18 @@ public final class TierMill {
         int faultPlace;
         private Program file;
 
+        Decoder(Program program) {
+            file = program;
+        }
+
         boolean findsFault(Program program) {
             file = program;
             file.siteCount = 0;
             for (int m = 0; m < file.methodCount; m++) {
-                Shape shape = file.methods[m];
+                Shape shape = file.methodAt(m);
                 markBegins(shape);
                 for (int p = 0; p < shape.codeLength; p++) {
-                    if (file.size[shape.codeAt + p] != 0 && isFaulty(shape, shape.codeAt + p)) {
+                    if (file.size.get(shape.codeAt + p) != 0 && isFaulty(shape, shape.codeAt + p)) {
                         faultMethod = m;
                         faultPlace = p;
                         return true;
@@ -657,41 +738,41 @@ public final class TierMill {
         /** One that is none gets a size below 0: it begins there, but nothing does behind it. */
         private void markBegins(Shape shape) {
             int end = shape.codeAt + shape.codeLength;
-            Arrays.fill(file.size, shape.codeAt, end, 0);
+            file.size.fill(shape.codeAt, end, 0);
             int size = 1;
             for (int at = shape.codeAt; at < end; at += Math.max(1, size)) {
-                int op = file.bytes[at];
+                int op = file.bytes.get(at);
                 size = sizeAt(at, end);
                 if (size == NONE || at + size > end) {
-                    file.size[at] = NONE;
+                    file.size.set(at, NONE);
                     return;
                 }
-                file.size[at] = size;
-                file.siteAt[at] = NONE;
+                file.size.set(at, size);
+                file.siteAt.set(at, NONE);
                 if (op == CALL || op == SEND) {
-                    file.siteAt[at] = file.siteCount;
+                    file.siteAt.set(at, file.siteCount);
                     file.siteCount++;
                 }
             }
         }
 
         private int sizeAt(int at, int end) {
-            int op = file.bytes[at];
+            int op = file.bytes.get(at);
             if (op > CHOOSE) {
                 return NONE;
             }
             if (op < CHOOSE) {
-                return SIZES[op];
+                return numberIn(SIZES, op);
             }
-            return at + 1 < end ? file.bytes[at + 1] + 3 : NONE;
+            return at + 1 < end ? file.bytes.get(at + 1) + 3 : NONE;
         }
 
         private boolean isFaulty(Shape shape, int at) {
-            int size = file.size[at];
+            int size = file.size.get(at);
             if (size == NONE) {
                 return true;
             }
-            int op = file.bytes[at];
+            int op = file.bytes.get(at);
             boolean goesOn = op != JUMP && op != RETURN && op != RETURN_VALUE && op != CHOOSE;
             if (goesOn && at + size == shape.codeAt + shape.codeLength) {
                 return true;
@@ -703,10 +784,10 @@ public final class TierMill {
             if (op == CHOOSE) {
                 return choosesWell(shape, at);
             }
-            if (SIZES[op] == 1) {
+            if (numberIn(SIZES, op) == 1) {
                 return true;
             }
-            int named = file.bytes[at + 1];
+            int named = file.bytes.get(at + 1);
             if (op >= JUMP && op <= IF_NOT_SAME) {
                 return begins(shape, named);
             }
@@ -716,7 +797,7 @@ public final class TierMill {
                 case NEW: case IS_OF: case CAST:
                     return named < file.classCount;
                 case GET_FIELD: case SET_FIELD:
-                    return named < file.classCount && file.bytes[at + 2] < file.fieldCount[named];
+                    return named < file.classCount && file.bytes.get(at + 2) < file.fieldCount.get(named);
                 case CALL:
                     return named < file.methodCount;
                 case SEND:
@@ -727,12 +808,12 @@ public final class TierMill {
         }
 
         private boolean choosesWell(Shape shape, int at) {
-            int n = file.bytes[at + 1];
+            int n = file.bytes.get(at + 1);
             if (n < 1 || n > 8) {
                 return false;
             }
             for (int i = 0; i <= n; i++) {
-                if (!begins(shape, file.bytes[at + 2 + i])) {
+                if (!begins(shape, file.bytes.get(at + 2 + i))) {
                     return false;
                 }
             }
@@ -740,7 +821,7 @@ public final class TierMill {
         }
 
         private boolean begins(Shape shape, int place) {
-            return place < shape.codeLength && file.size[shape.codeAt + place] != 0;
+            return place < shape.codeLength && file.size.get(shape.codeAt + place) != 0;
         }
     }
 
@@ -752,7 +833,7 @@ public final class TierMill {
         int faultMethod;
         int faultPlace;
         /** 1 for an INSTRUCTION before which something changed and that has not been gone behind since. */
-        private final int[] waits;
+        private final Row waits;
         private Program file;
         private Shape shape;
         private boolean changed;
@@ -761,17 +842,19 @@ public final class TierMill {
         private long locals;
         private long stack;
 
-        Verifier() {
-            waits = new int[MOST_BYTES];
+        Verifier(Program program) {
+            waits = new Row(MOST_BYTES);
+            file = program;
+            shape = program.methodAt(0);
         }
 
         boolean findsFault(Program program) {
             file = program;
             for (int m = 0; m < file.methodCount; m++) {
-                shape = file.methods[m];
+                shape = file.methodAt(m);
                 flow();
                 for (int p = 0; p < shape.codeLength; p++) {
-                    if (file.size[shape.codeAt + p] != 0 && isWrong(shape.codeAt + p)) {
+                    if (file.size.get(shape.codeAt + p) != 0 && isWrong(shape.codeAt + p)) {
                         faultMethod = m;
                         faultPlace = p;
                         return true;
@@ -784,11 +867,11 @@ public final class TierMill {
         private void flow() {
             int first = shape.codeAt;
             int end = first + shape.codeLength;
-            Arrays.fill(file.height, first, end, NOT_COME_TO);
-            Arrays.fill(waits, first, end, 0);
+            file.height.fill(first, end, NOT_COME_TO);
+            waits.fill(first, end, 0);
             locals = 0;
             for (int i = 0; i < shape.params; i++) {
-                locals |= (long) shape.types[i] << 8 * i;
+                locals |= (long) shape.types.get(i) << 8 * i;
             }
             stack = 0;
             height = 0;
@@ -796,8 +879,8 @@ public final class TierMill {
             for (int round = 0; changed && round < FAR_ABOVE; round++) {
                 changed = false;
                 for (int at = first; at < end; at++) {
-                    if (waits[at] != 0) {
-                        waits[at] = 0;
+                    if (waits.get(at) != 0) {
+                        waits.set(at, 0);
                         goBehind(at);
                     }
                 }
@@ -806,32 +889,32 @@ public final class TierMill {
 
         /** Brings what is behind the INSTRUCTION to all that may come next. */
         private void goBehind(int at) {
-            int op = file.bytes[at];
+            int op = file.bytes.get(at);
             findBehind(at, op);
             if (op == RETURN || op == RETURN_VALUE) {
                 return;
             }
             if (op == CHOOSE) {
-                int n = file.bytes[at + 1];
+                int n = file.bytes.get(at + 1);
                 for (int i = 0; i <= n; i++) {
-                    comeTo(shape.codeAt + file.bytes[at + 2 + i]);
+                    comeTo(shape.codeAt + file.bytes.get(at + 2 + i));
                 }
                 return;
             }
             if (op >= JUMP && op <= IF_NOT_SAME) {
-                comeTo(shape.codeAt + file.bytes[at + 1]);
+                comeTo(shape.codeAt + file.bytes.get(at + 1));
             }
             if (op != JUMP) {
-                comeTo(at + file.size[at]);
+                comeTo(at + file.size.get(at));
             }
         }
 
         private void findBehind(int at, int op) {
-            int before = file.height[at];
+            int before = file.height.get(at);
             int takes = takesAt(at, op);
             int puts = putsAt(at, op);
-            locals = file.localKinds[at];
-            stack = file.stackKinds[at];
+            locals = file.localKindsAt(at);
+            stack = file.stackKindsAt(at);
             if (before < takes || before - takes + puts > shape.stackMost) {
                 height = CLASHES;
                 return;
@@ -843,9 +926,9 @@ public final class TierMill {
                 dropKind();
             }
             if (op == GET) {
-                addKind(Program.kindIn(locals, file.bytes[at + 1]));
+                addKind(Program.kindIn(locals, file.bytes.get(at + 1)));
             } else if (op == SET) {
-                int shift = 8 * file.bytes[at + 1];
+                int shift = 8 * file.bytes.get(at + 1);
                 locals = locals & ~(255L << shift) | (long) top << shift;
             } else if (op == TWICE) {
                 addKind(top);
@@ -871,31 +954,31 @@ public final class TierMill {
 
         private int takesAt(int at, int op) {
             if (op == CALL) {
-                return file.methods[file.bytes[at + 1]].params;
+                return file.methodAt(file.bytes.get(at + 1)).params;
             }
             if (op == SEND) {
-                return file.selectors[file.bytes[at + 1]].params + 1;
+                return file.selectorAt(file.bytes.get(at + 1)).params + 1;
             }
-            return TAKES[op];
+            return numberIn(TAKES, op);
         }
 
         private int putsAt(int at, int op) {
             if (op == CALL || op == SEND) {
                 return returnedAt(at, op) == NOTHING ? 0 : 1;
             }
-            return PUTS[op];
+            return numberIn(PUTS, op);
         }
 
         private int returnedAt(int at, int op) {
-            int named = file.bytes[at + 1];
-            return op == CALL ? file.methods[named].returns : file.selectors[named].returns;
+            int named = file.bytes.get(at + 1);
+            return op == CALL ? file.methodAt(named).returns : file.selectorAt(named).returns;
         }
 
         private int kindPut(int at, int op) {
             switch (op) {
                 case PUSH_NULL: return NULL;
-                case NEW: case CAST: return REF + file.bytes[at + 1];
-                case GET_FIELD: return file.fieldType[file.bytes[at + 1] * MOST_FIELDS + file.bytes[at + 2]];
+                case NEW: case CAST: return REF + file.bytes.get(at + 1);
+                case GET_FIELD: return file.typeOfField(file.bytes.get(at + 1), file.bytes.get(at + 2));
                 case NEW_ARRAY: return ARRAY;
                 case CALL: case SEND: return returnedAt(at, op);
                 default: return INT;
@@ -903,25 +986,24 @@ public final class TierMill {
         }
 
         private void comeTo(int at) {
-            int there = file.height[at];
+            int there = file.height.get(at);
             if (there == NOT_COME_TO) {
                 becomes(at, height, locals, stack);
             } else if (there != CLASHES && there != height) {
                 becomes(at, CLASHES, 0, 0);
             } else if (there != CLASHES) {
-                long bothLocals = joined(file.localKinds[at], locals);
-                long bothStack = joined(file.stackKinds[at], stack);
-                if (bothLocals != file.localKinds[at] || bothStack != file.stackKinds[at]) {
+                long bothLocals = joined(file.localKindsAt(at), locals);
+                long bothStack = joined(file.stackKindsAt(at), stack);
+                if (bothLocals != file.localKindsAt(at) || bothStack != file.stackKindsAt(at)) {
                     becomes(at, there, bothLocals, bothStack);
                 }
             }
         }
 
         private void becomes(int at, int newHeight, long newLocals, long newStack) {
-            file.height[at] = newHeight;
-            file.localKinds[at] = newLocals;
-            file.stackKinds[at] = newStack;
-            waits[at] = 1;
+            file.height.set(at, newHeight);
+            file.setKinds(at, newLocals, newStack);
+            waits.set(at, 1);
             changed = true;
         }
 
@@ -946,7 +1028,7 @@ public final class TierMill {
             if (a < ANY || b < ANY) {
                 return NO;
             }
-            int common = a == ANY || b == ANY ? 0 : file.above[a - REF] & file.above[b - REF];
+            int common = a == ANY || b == ANY ? 0 : file.above.get(a - REF) & file.above.get(b - REF);
             // A SUPER is always ahead, so the lowest class that both share has the greatest number.
             for (int c = MOST_CLASSES - 1; c >= 0; c--) {
                 if ((common >> c & 1) != 0) {
@@ -957,17 +1039,17 @@ public final class TierMill {
         }
 
         private boolean isWrong(int at) {
-            int before = file.height[at];
+            int before = file.height.get(at);
             if (before == NOT_COME_TO) {
                 return false;
             }
-            int op = file.bytes[at];
+            int op = file.bytes.get(at);
             int takes = takesAt(at, op);
             if (before < takes || before - takes + putsAt(at, op) > shape.stackMost) {
                 return true;
             }
-            stack = file.stackKinds[at];
-            locals = file.localKinds[at];
+            stack = file.stackKindsAt(at);
+            locals = file.localKindsAt(at);
             height = before;
             return op <= IF_NOT_SAME || op >= OUT ? !isFitPlain(at, op) : !isFitObject(at, op);
         }
@@ -984,19 +1066,19 @@ public final class TierMill {
                 case BYTE: case WORD: case PUSH_NULL: case JUMP: case IN:
                     return true;
                 case GET:
-                    return Program.kindIn(locals, file.bytes[at + 1]) != NO;
+                    return Program.kindIn(locals, file.bytes.get(at + 1)) != NO;
                 case SET: case DROP: case TWICE:
                     return top != NO;
                 case SWAP:
                     return top != NO && below != NO;
                 case ADD_LOCAL:
-                    return Program.kindIn(locals, file.bytes[at + 1]) == INT;
+                    return Program.kindIn(locals, file.bytes.get(at + 1)) == INT;
                 case IF_NULL: case IF_NOT_NULL:
                     return top != INT && top != NO;
                 case IF_SAME: case IF_NOT_SAME:
                     return areAlike(top, below);
                 default:
-                    return top == INT && (TAKES[op] == 1 || below == INT);
+                    return top == INT && (numberIn(TAKES, op) == 1 || below == INT);
             }
         }
 
@@ -1010,13 +1092,13 @@ public final class TierMill {
         private boolean isFitObject(int at, int op) {
             int top = fromTop(0);
             int below = fromTop(1);
-            int named = SIZES[op] > 1 ? file.bytes[at + 1] : 0;
+            int named = file.bytes.get(at + 1);
             switch (op) {
                 case GET_FIELD:
                     return isFit(top, REF + named);
                 case SET_FIELD:
                     return isFit(below, REF + named)
-                        && isFit(top, file.fieldType[named * MOST_FIELDS + file.bytes[at + 2]]);
+                        && isFit(top, file.typeOfField(named, file.bytes.get(at + 2)));
                 case NEW_ARRAY:
                     return top == INT;
                 case GET_INT:
@@ -1028,9 +1110,9 @@ public final class TierMill {
                 case IS_OF: case CAST:
                     return top == NULL || top >= ANY;
                 case CALL:
-                    return areParamsFit(file.methods[named]);
+                    return areParamsFit(file.methodAt(named));
                 case SEND:
-                    return areParamsFit(file.selectors[named]) && hasMethod(named);
+                    return areParamsFit(file.selectorAt(named)) && hasMethod(named);
                 case RETURN:
                     return shape.returns == NOTHING;
                 case RETURN_VALUE:
@@ -1042,7 +1124,7 @@ public final class TierMill {
 
         private boolean areParamsFit(Shape called) {
             for (int i = 0; i < called.params; i++) {
-                if (!isFit(fromTop(called.params - 1 - i), called.types[i])) {
+                if (!isFit(fromTop(called.params - 1 - i), called.types.get(i))) {
                     return false;
                 }
             }
@@ -1050,8 +1132,8 @@ public final class TierMill {
         }
 
         private boolean hasMethod(int selector) {
-            int kind = fromTop(file.selectors[selector].params);
-            return kind >= REF && file.table[(kind - REF) * MOST_SELECTORS + selector] != NONE;
+            int kind = fromTop(file.selectorAt(selector).params);
+            return kind >= REF && file.table.get((kind - REF) * MOST_SELECTORS + selector) != NONE;
         }
 
         private boolean isFit(int kind, int type) {
@@ -1067,24 +1149,24 @@ public final class TierMill {
         static final int SLOTS = MOST_LOCALS + MOST_STACK;
 
         int depth;
-        final int[] methodOf;
-        final int[] place;
-        final int[] tier;
+        final Row methodOf;
+        final Row place;
+        final Row tier;
         /** The PLAN of a COMPILED or INLINED FRAME, by its number. */
-        final int[] plan;
+        final Row plan;
         /** Of an INLINED FRAME which of its PLAN's rows it is INLINED for, else NONE. */
-        final int[] row;
-        final int[] height;
-        final int[] slots;
+        final Row row;
+        final Row height;
+        final Row slots;
 
         Frames() {
-            methodOf = new int[MOST_FRAMES];
-            place = new int[MOST_FRAMES];
-            tier = new int[MOST_FRAMES];
-            plan = new int[MOST_FRAMES];
-            row = new int[MOST_FRAMES];
-            height = new int[MOST_FRAMES];
-            slots = new int[MOST_FRAMES * SLOTS];
+            methodOf = new Row(MOST_FRAMES);
+            place = new Row(MOST_FRAMES);
+            tier = new Row(MOST_FRAMES);
+            plan = new Row(MOST_FRAMES);
+            row = new Row(MOST_FRAMES);
+            height = new Row(MOST_FRAMES);
+            slots = new Row(MOST_FRAMES * SLOTS);
         }
 
         int fromLatest(int k) {
@@ -1093,65 +1175,65 @@ public final class TierMill {
 
         void open(int m, int newTier, int newPlan, int newRow) {
             int f = depth;
-            methodOf[f] = m;
-            place[f] = 0;
-            tier[f] = newTier;
-            plan[f] = newPlan;
-            row[f] = newRow;
-            height[f] = 0;
+            methodOf.set(f, m);
+            place.set(f, 0);
+            tier.set(f, newTier);
+            plan.set(f, newPlan);
+            row.set(f, newRow);
+            height.set(f, 0);
             depth++;
         }
 
         void becomePlain(int f) {
-            tier[f] = PLAIN;
-            plan[f] = NONE;
-            row[f] = NONE;
+            tier.set(f, PLAIN);
+            plan.set(f, NONE);
+            row.set(f, NONE);
         }
 
         void setArguments(int a, int b, int c, int d) {
-            slots[0] = a;
-            slots[1] = b;
-            slots[2] = c;
-            slots[3] = d;
+            slots.set(0, a);
+            slots.set(1, b);
+            slots.set(2, c);
+            slots.set(3, d);
         }
 
         /** Takes so many from the STACK of the FRAME that called into the latest one's first LOCALS. */
         void handOver(int params) {
             int caller = depth - 2;
-            height[caller] -= params;
-            int from = caller * SLOTS + MOST_LOCALS + height[caller];
+            height.add(caller, -params);
+            int from = caller * SLOTS + MOST_LOCALS + height.get(caller);
             int to = (depth - 1) * SLOTS;
             for (int i = 0; i < params; i++) {
-                slots[to + i] = slots[from + i];
+                slots.set(to + i, slots.get(from + i));
             }
         }
 
         /** What is so far from the top (0) of the latest FRAME's STACK. */
         int peek(int i) {
             int f = depth - 1;
-            return slots[f * SLOTS + MOST_LOCALS + height[f] - 1 - i];
+            return slots.get(f * SLOTS + MOST_LOCALS + height.get(f) - 1 - i);
         }
 
         int pop() {
             int value = peek(0);
-            height[depth - 1]--;
+            height.add(depth - 1, -1);
             return value;
         }
 
         void push(int value) {
             int f = depth - 1;
-            slots[f * SLOTS + MOST_LOCALS + height[f]] = value;
-            height[f]++;
+            slots.set(f * SLOTS + MOST_LOCALS + height.get(f), value);
+            height.add(f, 1);
         }
 
         void goOn(int bytes) {
-            place[depth - 1] += bytes;
+            place.add(depth - 1, bytes);
         }
 
         /** The byte of the FILE before which this FRAME's KINDS are: of one that called its call's. */
         int kindsAt(Program file, int f) {
-            int behindCall = f == depth - 1 ? 0 : SIZES[CALL];
-            return file.methods[methodOf[f]].codeAt + place[f] - behindCall;
+            int behindCall = f == depth - 1 ? 0 : CALL_BYTES;
+            return file.methodAt(methodOf.get(f)).codeAt + place.get(f) - behindCall;
         }
 
         int kindOf(Program file, int f, int slot) {
@@ -1170,12 +1252,12 @@ public final class TierMill {
         int cellsMost;
         int used;
         int latest;
-        private int[] cells;
-        private int[] other;
+        private Row cells;
+        private Row other;
 
         Heap() {
-            cells = new int[MOST_CELLS + 1];
-            other = new int[MOST_CELLS + 1];
+            cells = new Row(MOST_CELLS + 1);
+            other = new Row(MOST_CELLS + 1);
         }
 
         void clear(int newRoom) {
@@ -1189,51 +1271,51 @@ public final class TierMill {
         }
 
         int numberOf(int ref) {
-            return cells[ref];
+            return cells.get(ref);
         }
 
         int tagOf(int ref) {
-            return cells[ref + 1];
+            return cells.get(ref + 1);
         }
 
         int partsOf(Program file, int tag) {
-            return tag >= REF ? tag - REF : file.fieldCount[tag];
+            return tag >= REF ? tag - REF : file.fieldCount.get(tag);
         }
 
         int partOf(int ref, int i) {
-            return cells[ref + 2 + i];
+            return cells.get(ref + 2 + i);
         }
 
         void setPart(int ref, int i, int value) {
-            cells[ref + 2 + i] = value;
+            cells.set(ref + 2 + i, value);
         }
 
         /** Only behind hasRoom. */
         int make(int tag, int parts) {
             int ref = used + 1;
             latest++;
-            cells[ref] = latest;
-            cells[ref + 1] = tag;
-            Arrays.fill(cells, ref + 2, ref + 2 + parts, 0);
+            cells.set(ref, latest);
+            cells.set(ref + 1, tag);
+            cells.fill(ref + 2, ref + 2 + parts, 0);
             used += 2 + parts;
             return ref;
         }
 
         void collect(Program file, Frames frames) {
-            int[] old = cells;
+            Row old = cells;
             cells = other;
             other = old;
             used = 0;
             for (int f = 0; f < frames.depth; f++) {
                 int at = frames.kindsAt(file, f);
                 int first = f * Frames.SLOTS;
-                int locals = file.methods[frames.methodOf[f]].locals;
-                bringSlots(file, frames.slots, file.localKinds[at], first, locals);
-                bringSlots(file, frames.slots, file.stackKinds[at], first + MOST_LOCALS, frames.height[f]);
+                int locals = file.methodAt(frames.methodOf.get(f)).locals;
+                bringSlots(file, frames.slots, file.localKindsAt(at), first, locals);
+                bringSlots(file, frames.slots, file.stackKindsAt(at), first + MOST_LOCALS, frames.height.get(f));
             }
             int ref = 1;
             while (ref <= used && ref < MOST_CELLS) {
-                int tag = cells[ref + 1];
+                int tag = cells.get(ref + 1);
                 if (tag < REF) {
                     bringFields(file, ref, tag);
                 }
@@ -1241,21 +1323,21 @@ public final class TierMill {
             }
         }
 
-        private void bringSlots(Program file, int[] slots, long kinds, int first, int count) {
+        private void bringSlots(Program file, Row slots, long kinds, int first, int count) {
             if ((kinds & ~INTS_ALONE) == 0) {
                 return;
             }
             for (int i = 0; i < count; i++) {
                 if (Program.isReference(Program.kindIn(kinds, i))) {
-                    slots[first + i] = broughtOver(file, slots[first + i]);
+                    slots.set(first + i, broughtOver(file, slots.get(first + i)));
                 }
             }
         }
 
         private void bringFields(Program file, int ref, int tag) {
-            for (int i = 0; i < file.fieldCount[tag]; i++) {
-                if (file.fieldType[tag * MOST_FIELDS + i] != INT) {
-                    cells[ref + 2 + i] = broughtOver(file, cells[ref + 2 + i]);
+            for (int i = 0; i < file.fieldCount.get(tag); i++) {
+                if (file.typeOfField(tag, i) != INT) {
+                    cells.set(ref + 2 + i, broughtOver(file, cells.get(ref + 2 + i)));
                 }
             }
         }
@@ -1265,13 +1347,15 @@ public final class TierMill {
             if (ref == 0) {
                 return 0;
             }
-            if (other[ref] < 0) {
-                return -other[ref];
+            if (other.get(ref) < 0) {
+                return -other.get(ref);
             }
             int to = used + 1;
-            int all = 2 + partsOf(file, other[ref + 1]);
-            System.arraycopy(other, ref, cells, to, all);
-            other[ref] = -to;
+            int all = 2 + partsOf(file, other.get(ref + 1));
+            for (int i = 0; i < all; i++) {
+                cells.set(to + i, other.get(ref + i));
+            }
+            other.set(ref, -to);
             used += all;
             return to;
         }
@@ -1290,29 +1374,32 @@ public final class TierMill {
 
         final int count;
         final int allBytes;
-        final int[] rows;
+        final Row rows;
 
-        Plan(int[] fromRows, int rowCount, int codeBytes) {
+        Plan(Row fromRows, int rowCount, int codeBytes) {
             count = rowCount;
             allBytes = codeBytes;
-            rows = Arrays.copyOf(fromRows, rowCount * WIDTH);
+            rows = new Row(rowCount * WIDTH);
+            for (int i = 0; i < rowCount * WIDTH; i++) {
+                rows.set(i, fromRows.get(i));
+            }
         }
 
         /** The row of a SITE directly within a row (NONE: the METHOD itself), or NONE. */
         int find(int within, int place) {
-            int end = within == NONE ? count : rows[within * WIDTH + BEHIND];
+            int end = within == NONE ? count : rows.get(within * WIDTH + BEHIND);
             int k = within + 1;
             while (k < end) {
-                if (rows[k * WIDTH + PLACE] == place) {
+                if (rows.get(k * WIDTH + PLACE) == place) {
                     return k;
                 }
-                k = Math.max(k + 1, rows[k * WIDTH + BEHIND]);
+                k = Math.max(k + 1, rows.get(k * WIDTH + BEHIND));
             }
             return NONE;
         }
 
         int guardOf(int k) {
-            return rows[k * WIDTH + GUARD];
+            return rows.get(k * WIDTH + GUARD);
         }
     }
 
@@ -1322,46 +1409,47 @@ public final class TierMill {
         int samples;
         int mostDeep;
         int mostSize;
-        final int[] counts;
-        final int[] profiles;
+        final Row counts;
+        final Row profiles;
         /** The PLANS of all RUNS; a METHOD or a FRAME has one by its number. */
         final Plan[] plans;
         int planCount;
-        private final int[] planOf;
+        private final Row planOf;
         /** The PLAN that is being made. */
-        private final int[] rows;
+        private final Row rows;
         private int rowCount;
         private int inlinedBytes;
         private Program file;
 
-        Tiers() {
+        Tiers(Program program) {
+            file = program;
             hot = 3;
             samples = 2;
             mostDeep = 2;
             mostSize = 40;
-            counts = new int[MOST_METHODS];
-            profiles = new int[MOST_BYTES / 2 * MOST_CLASSES];
+            counts = new Row(MOST_METHODS);
+            profiles = new Row(MOST_BYTES / 2 * MOST_CLASSES);
             plans = new Plan[MOST_PLANS];
-            planOf = new int[MOST_METHODS];
-            rows = new int[MOST_INLINED_BYTES * Plan.WIDTH];
+            planOf = new Row(MOST_METHODS);
+            rows = new Row(MOST_INLINED_BYTES * Plan.WIDTH);
         }
 
         void clear() {
-            Arrays.fill(counts, 0);
-            Arrays.fill(planOf, NONE);
+            counts.fill(0, MOST_METHODS, 0);
+            planOf.fill(0, MOST_METHODS, NONE);
         }
 
         void clearFor(Program program) {
             file = program;
-            Arrays.fill(profiles, 0, file.siteCount * MOST_CLASSES, 0);
+            profiles.fill(0, file.siteCount * MOST_CLASSES, 0);
         }
 
         int planNumber(int m) {
-            return planOf[m];
+            return planOf.get(m);
         }
 
         Plan planOfMethod(int m) {
-            return planNumbered(planOf[m]);
+            return planNumbered(planOf.get(m));
         }
 
         Plan planNumbered(int number) {
@@ -1370,25 +1458,25 @@ public final class TierMill {
 
         /** Counts an INVOCATION: the PLAN if the METHOD was COMPILED by it, else null. */
         Plan invoke(int m) {
-            counts[m]++;
-            if (counts[m] < hot || planOf[m] != NONE || planCount >= MOST_PLANS) {
+            counts.add(m, 1);
+            if (counts.get(m) < hot || planOf.get(m) != NONE || planCount >= MOST_PLANS) {
                 return null;
             }
             rowCount = 0;
             inlinedBytes = 0;
             goThrough(m, 0);
-            Plan plan = new Plan(rows, rowCount, inlinedBytes + file.methods[m].codeLength);
+            Plan plan = new Plan(rows, rowCount, inlinedBytes + file.methodAt(m).codeLength);
             plans[planCount] = plan;
-            planOf[m] = planCount;
+            planOf.set(m, planCount);
             planCount++;
             return plan;
         }
 
         /** A METHOD that has another PLAN by now keeps it. */
         void giveUp(int m, int plan) {
-            if (planOf[m] == plan) {
-                planOf[m] = NONE;
-                counts[m] = 0;
+            if (planOf.get(m) == plan) {
+                planOf.set(m, NONE);
+                counts.set(m, 0);
             }
         }
 
@@ -1396,89 +1484,64 @@ public final class TierMill {
             if (deep >= mostDeep) {
                 return;
             }
-            Shape shape = file.methods[m];
-            for (int p = 0; p < shape.codeLength; p += Math.max(1, file.size[shape.codeAt + p])) {
+            Shape shape = file.methodAt(m);
+            for (int p = 0; p < shape.codeLength; p += Math.max(1, file.size.get(shape.codeAt + p))) {
                 int at = shape.codeAt + p;
                 int guard = guardOf(at);
                 int callee = calleeOf(at, guard);
                 if (callee != NONE && fits(callee)) {
                     int row = addRow(deep, m, p, guard, callee);
                     goThrough(callee, deep + 1);
-                    rows[row + Plan.BEHIND] = rowCount;
+                    rows.set(row + Plan.BEHIND, rowCount);
                 }
             }
         }
 
         /** The only class that a 48 has seen, often enough; else NONE. */
         private int guardOf(int at) {
-            if (file.bytes[at] != SEND) {
+            if (file.bytes.get(at) != SEND) {
                 return NONE;
             }
-            int first = file.siteAt[at] * MOST_CLASSES;
+            int first = file.siteAt.get(at) * MOST_CLASSES;
             int only = NONE;
             for (int c = 0; c < file.classCount; c++) {
-                if (profiles[first + c] > 0) {
+                if (profiles.get(first + c) > 0) {
                     if (only != NONE) {
                         return NONE;
                     }
                     only = c;
                 }
             }
-            return only != NONE && profiles[first + only] >= samples ? only : NONE;
+            return only != NONE && profiles.get(first + only) >= samples ? only : NONE;
         }
 
         /** The METHOD that is called at a SITE which was counted often enough, else NONE. */
         private int calleeOf(int at, int guard) {
-            int op = file.bytes[at];
-            if (op == CALL && profiles[file.siteAt[at] * MOST_CLASSES] >= samples) {
-                return file.bytes[at + 1];
+            int op = file.bytes.get(at);
+            if (op == CALL && profiles.get(file.siteAt.get(at) * MOST_CLASSES) >= samples) {
+                return file.bytes.get(at + 1);
             }
             if (op == SEND && guard != NONE) {
-                return file.table[guard * MOST_SELECTORS + file.bytes[at + 1]];
+                return file.table.get(guard * MOST_SELECTORS + file.bytes.get(at + 1));
             }
             return NONE;
         }
 
         private boolean fits(int callee) {
-            int more = file.methods[callee].codeLength;
+            int more = file.methodAt(callee).codeLength;
             return more <= mostSize && inlinedBytes + more <= MOST_INLINED_BYTES;
         }
 
         private int addRow(int deep, int m, int place, int guard, int callee) {
             int row = rowCount * Plan.WIDTH;
-            rows[row + Plan.DEEP] = deep;
-            rows[row + Plan.METHOD] = m;
-            rows[row + Plan.PLACE] = place;
-            rows[row + Plan.GUARD] = guard;
-            rows[row + Plan.CALLEE] = callee;
+            rows.set(row + Plan.DEEP, deep);
+            rows.set(row + Plan.METHOD, m);
+            rows.set(row + Plan.PLACE, place);
+            rows.set(row + Plan.GUARD, guard);
+            rows.set(row + Plan.CALLEE, callee);
             rowCount++;
-            inlinedBytes += file.methods[callee].codeLength;
+            inlinedBytes += file.methodAt(callee).codeLength;
             return row;
-        }
-    }
-
-    /** THE LOG of a RUN. */
-    private static final class Entries {
-        static final int WIDTH = 5;
-
-        int count;
-        final int[] rows;
-
-        Entries() {
-            rows = new int[MOST_ENTRIES * WIDTH];
-        }
-
-        void add(int which, int steps, int m, int third, int fourth) {
-            if (count >= MOST_ENTRIES) {
-                return;
-            }
-            int row = count * WIDTH;
-            rows[row] = which;
-            rows[row + 1] = steps;
-            rows[row + 2] = m;
-            rows[row + 3] = third;
-            rows[row + 4] = fourth;
-            count++;
         }
     }
 
@@ -1487,8 +1550,10 @@ public final class TierMill {
         final Frames frames;
         final Heap heap;
         final Tiers tiers;
-        final Entries entries;
-        final int[] outputs;
+        /** THE LOG. */
+        final Row entries;
+        int entryCount;
+        final Row outputs;
         int outputCount;
         int phase;
         int trap;
@@ -1496,19 +1561,20 @@ public final class TierMill {
         int steps;
         int stepsInAll;
         int inputCount;
-        private final int[] inputs;
+        private final Row inputs;
         private int firstInput;
         private Program file;
         /** The byte of the FILE with which the INSTRUCTION begins that is done now. */
         private int at;
 
-        Machine() {
+        Machine(Program program) {
+            file = program;
             frames = new Frames();
             heap = new Heap();
-            tiers = new Tiers();
-            entries = new Entries();
-            outputs = new int[MOST_OUTPUTS];
-            inputs = new int[MOST_INPUTS];
+            tiers = new Tiers(program);
+            entries = new Row(MOST_ENTRIES * ENTRY_WIDTH);
+            outputs = new Row(MOST_OUTPUTS);
+            inputs = new Row(MOST_INPUTS);
             tiers.clear();
         }
 
@@ -1516,7 +1582,7 @@ public final class TierMill {
             if (inputCount >= MOST_INPUTS) {
                 return false;
             }
-            inputs[(firstInput + inputCount) % MOST_INPUTS] = value;
+            inputs.set((firstInput + inputCount) % MOST_INPUTS, value);
             inputCount++;
             return true;
         }
@@ -1529,7 +1595,7 @@ public final class TierMill {
             steps = 0;
             outputCount = 0;
             frames.depth = 0;
-            entries.count = 0;
+            entryCount = 0;
             heap.clear(0);
             tiers.clear();
         }
@@ -1546,25 +1612,29 @@ public final class TierMill {
             return isInt || value == 0 ? value : heap.numberOf(value);
         }
 
-        int advance(int most) {
-            int done = 0;
-            while (done < most && phase == UNDER_WAY) {
-                int f = frames.depth - 1;
-                at = file.methods[frames.methodOf[f]].codeAt + frames.place[f];
-                trap = step(file.bytes[at]);
-                if (trap != 0) {
-                    phase = TRAPPED;
-                    return done;
-                }
-                done++;
-                steps++;
-                stepsInAll++;
+        private void addEntry(int which, int m, int third, int fourth) {
+            if (entryCount >= MOST_ENTRIES) {
+                return;
             }
-            return done;
+            int row = entryCount * ENTRY_WIDTH;
+            entries.set(row, which);
+            entries.set(row + 1, steps);
+            entries.set(row + 2, m);
+            entries.set(row + 3, third);
+            entries.set(row + 4, fourth);
+            entryCount++;
         }
 
-        /** Does one INSTRUCTION, or changes nothing: its TRAP, 0 without. */
-        private int step(int op) {
+        void stop(int byTrap) {
+            trap = byTrap;
+            phase = TRAPPED;
+        }
+
+        /** Does the INSTRUCTION at the latest FRAME's PLACE, or changes nothing: its TRAP, 0 without. */
+        int step() {
+            int f = frames.depth - 1;
+            at = file.methodAt(frames.methodOf.get(f)).codeAt + frames.place.get(f);
+            int op = file.bytes.get(at);
             if (op >= ADD && op <= NEGATE) {
                 return calculate(op);
             }
@@ -1595,19 +1665,19 @@ public final class TierMill {
         private int move(int op) {
             switch (op) {
                 case BYTE:
-                    frames.push((byte) file.bytes[at + 1]);
+                    frames.push((byte) file.bytes.get(at + 1));
                     break;
                 case WORD:
-                    frames.push((short) (file.bytes[at + 1] << 8 | file.bytes[at + 2]));
+                    frames.push((short) (file.bytes.get(at + 1) << 8 | file.bytes.get(at + 2)));
                     break;
                 case PUSH_NULL:
                     frames.push(0);
                     break;
                 case GET:
-                    frames.push(frames.slots[localNamed()]);
+                    frames.push(frames.slots.get(localNamed()));
                     break;
                 case SET:
-                    frames.slots[localNamed()] = frames.pop();
+                    frames.slots.set(localNamed(), frames.pop());
                     break;
                 case DROP:
                     frames.pop();
@@ -1619,15 +1689,15 @@ public final class TierMill {
                     swap();
                     break;
                 default:
-                    frames.slots[localNamed()] += (byte) file.bytes[at + 2];
+                    frames.slots.add(localNamed(), (byte) file.bytes.get(at + 2));
                     break;
             }
-            frames.goOn(SIZES[op]);
+            frames.goOn(file.size.get(at));
             return 0;
         }
 
         private int localNamed() {
-            return (frames.depth - 1) * Frames.SLOTS + file.bytes[at + 1];
+            return (frames.depth - 1) * Frames.SLOTS + file.bytes.get(at + 1);
         }
 
         private void swap() {
@@ -1644,7 +1714,7 @@ public final class TierMill {
             }
             frames.pop();
             frames.push(op == NEGATE ? -y : calculated(op, frames.pop(), y));
-            frames.goOn(SIZES[op]);
+            frames.goOn(file.size.get(at));
             return 0;
         }
 
@@ -1666,23 +1736,23 @@ public final class TierMill {
 
         private int jump(int op) {
             int f = frames.depth - 1;
-            int own = frames.place[f];
-            int target = op == CHOOSE ? chosen() : file.bytes[at + 1];
+            int own = frames.place.get(f);
+            int target = op == CHOOSE ? chosen() : file.bytes.get(at + 1);
             if (op != CHOOSE && !isTaken(op)) {
-                frames.goOn(SIZES[op]);
+                frames.goOn(file.size.get(at));
                 return 0;
             }
-            if (frames.tier[f] == PLAIN && target <= own) {
-                tiers.counts[frames.methodOf[f]]++;
+            if (frames.tier.get(f) == PLAIN && target <= own) {
+                tiers.counts.add(frames.methodOf.get(f), 1);
             }
-            frames.place[f] = target;
+            frames.place.set(f, target);
             return 0;
         }
 
         private int chosen() {
-            int n = file.bytes[at + 1];
+            int n = file.bytes.get(at + 1);
             int x = frames.pop();
-            return file.bytes[at + 2 + (x >= 0 && x < n ? x : n)];
+            return file.bytes.get(at + 2 + (x >= 0 && x < n ? x : n));
         }
 
         private boolean isTaken(int op) {
@@ -1715,8 +1785,8 @@ public final class TierMill {
         }
 
         private int make(int op) {
-            int tag = op == NEW ? file.bytes[at + 1] : REF;
-            int parts = op == NEW ? file.fieldCount[tag] : frames.peek(0);
+            int tag = op == NEW ? file.bytes.get(at + 1) : REF;
+            int parts = op == NEW ? file.fieldCount.get(tag) : frames.peek(0);
             if (parts < 0) {
                 return TRAP_LENGTH;
             }
@@ -1724,7 +1794,7 @@ public final class TierMill {
             if (!heap.hasRoom(more)) {
                 int before = heap.used;
                 heap.collect(file, frames);
-                entries.add(ENTRY_COLLECTED, steps, frames.methodOf[frames.depth - 1], before, heap.used);
+                addEntry(ENTRY_COLLECTED, frames.methodOf.get(frames.depth - 1), before, heap.used);
             }
             if (!heap.hasRoom(more)) {
                 return TRAP_ROOM;
@@ -1734,12 +1804,12 @@ public final class TierMill {
                 tag += parts;
             }
             frames.push(heap.make(tag, parts));
-            frames.goOn(SIZES[op]);
+            frames.goOn(file.size.get(at));
             return 0;
         }
 
         private int useField(int op) {
-            int field = file.bytes[at + 2];
+            int field = file.bytes.get(at + 2);
             int ref = frames.peek(op == SET_FIELD ? 1 : 0);
             if (ref == 0) {
                 return TRAP_NULL;
@@ -1751,7 +1821,7 @@ public final class TierMill {
                 frames.pop();
                 frames.push(heap.partOf(ref, field));
             }
-            frames.goOn(SIZES[op]);
+            frames.goOn(file.size.get(at));
             return 0;
         }
 
@@ -1764,7 +1834,7 @@ public final class TierMill {
             if (op == LENGTH) {
                 frames.pop();
                 frames.push(ints);
-                frames.goOn(SIZES[op]);
+                frames.goOn(file.size.get(at));
                 return 0;
             }
             int i = frames.peek(op == SET_INT ? 1 : 0);
@@ -1779,13 +1849,13 @@ public final class TierMill {
             } else {
                 frames.push(heap.partOf(ref, i));
             }
-            frames.goOn(SIZES[op]);
+            frames.goOn(file.size.get(at));
             return 0;
         }
 
         private int testClass(int op) {
             int ref = frames.peek(0);
-            boolean isOfClass = ref != 0 && file.isOrBelow(heap.tagOf(ref), file.bytes[at + 1]);
+            boolean isOfClass = ref != 0 && file.isOrBelow(heap.tagOf(ref), file.bytes.get(at + 1));
             if (op == CAST && ref != 0 && !isOfClass) {
                 return TRAP_CLASS;
             }
@@ -1793,47 +1863,47 @@ public final class TierMill {
                 frames.pop();
                 frames.push(isOfClass ? 1 : 0);
             }
-            frames.goOn(SIZES[op]);
+            frames.goOn(file.size.get(at));
             return 0;
         }
 
         private int call(int op) {
-            int named = file.bytes[at + 1];
+            int named = file.bytes.get(at + 1);
             int callee = named;
             int seenClass = 0;
             if (op == SEND) {
-                int ref = frames.peek(file.selectors[named].params);
+                int ref = frames.peek(file.selectorAt(named).params);
                 if (ref == 0) {
                     return TRAP_NULL;
                 }
                 seenClass = heap.tagOf(ref);
-                callee = file.table[seenClass * MOST_SELECTORS + named];
+                callee = file.table.get(seenClass * MOST_SELECTORS + named);
             }
             if (frames.depth >= MOST_FRAMES) {
                 return TRAP_FRAMES;
             }
             int f = frames.depth - 1;
             int row = rowOfCall(f, op, seenClass);
-            if (frames.tier[f] == PLAIN) {
-                tiers.profiles[file.siteAt[at] * MOST_CLASSES + seenClass]++;
+            if (frames.tier.get(f) == PLAIN) {
+                tiers.profiles.add(file.siteAt.get(at) * MOST_CLASSES + seenClass, 1);
             }
-            frames.goOn(SIZES[op]);
+            frames.goOn(file.size.get(at));
             if (row == NONE) {
                 openInvoked(callee);
             } else {
-                frames.open(callee, INLINED, frames.plan[f], row);
+                frames.open(callee, INLINED, frames.plan.get(f), row);
             }
-            frames.handOver(file.methods[callee].params);
+            frames.handOver(file.methodAt(callee).params);
             return 0;
         }
 
         /** The row of the FRAME's PLAN by which this call is INLINED, or NONE; a GUARD that FAILS has its effect. */
         private int rowOfCall(int f, int op, int seenClass) {
-            Plan plan = tiers.planNumbered(frames.plan[f]);
-            if (frames.tier[f] == PLAIN || plan == null) {
+            Plan plan = tiers.planNumbered(frames.plan.get(f));
+            if (frames.tier.get(f) == PLAIN || plan == null) {
                 return NONE;
             }
-            int row = plan.find(frames.row[f], frames.place[f]);
+            int row = plan.find(frames.row.get(f), frames.place.get(f));
             if (row != NONE && op == SEND && plan.guardOf(row) != seenClass) {
                 failGuard(f);
                 return NONE;
@@ -1843,12 +1913,12 @@ public final class TierMill {
 
         private void failGuard(int latest) {
             int outer = latest;
-            while (outer > 0 && frames.tier[outer] == INLINED) {
+            while (outer > 0 && frames.tier.get(outer) == INLINED) {
                 outer--;
             }
-            int m = frames.methodOf[outer];
-            entries.add(ENTRY_GUARD, steps, m, frames.methodOf[latest], frames.place[latest]);
-            tiers.giveUp(m, frames.plan[outer]);
+            int m = frames.methodOf.get(outer);
+            addEntry(ENTRY_GUARD, m, frames.methodOf.get(latest), frames.place.get(latest));
+            tiers.giveUp(m, frames.plan.get(outer));
             for (int f = outer; f <= latest; f++) {
                 frames.becomePlain(f);
             }
@@ -1857,7 +1927,7 @@ public final class TierMill {
         private void openInvoked(int m) {
             Plan made = tiers.invoke(m);
             if (made != null) {
-                entries.add(ENTRY_COMPILED, steps, m, made.count, made.allBytes);
+                addEntry(ENTRY_COMPILED, m, made.count, made.allBytes);
             }
             int plan = tiers.planNumber(m);
             frames.open(m, plan == NONE ? PLAIN : COMPILED, plan, NONE);
@@ -1873,7 +1943,7 @@ public final class TierMill {
                 return 0;
             }
             phase = ENDED;
-            returned = file.methods[0].returns == INT ? value : 0;
+            returned = file.methodAt(0).returns == INT ? value : 0;
             return 0;
         }
 
@@ -1881,13 +1951,13 @@ public final class TierMill {
             if (op == OUT) {
                 int value = frames.pop();
                 if (outputCount < MOST_OUTPUTS) {
-                    outputs[outputCount] = value;
+                    outputs.set(outputCount, value);
                 }
                 outputCount++;
             } else {
                 frames.push(nextInput());
             }
-            frames.goOn(SIZES[op]);
+            frames.goOn(file.size.get(at));
             return 0;
         }
 
@@ -1895,7 +1965,7 @@ public final class TierMill {
             if (inputCount == 0) {
                 return 0;
             }
-            int value = inputs[firstInput];
+            int value = inputs.get(firstInput);
             firstInput = (firstInput + 1) % MOST_INPUTS;
             inputCount--;
             return value;

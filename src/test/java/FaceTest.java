@@ -105,17 +105,33 @@ final class FaceTest {
         }
     }
 
+    /** Where an array's index is tested ahead of the line, not in it. */
+    private static final String[] TESTED_AHEAD = {
+        "numbers[i] = value;", "localKinds[at] = ofLocals;", "stackKinds[at] = ofStack;", "plans[planCount] = plan;",
+        "selectors[s] = new Shape();", "methods[m] = new Shape();"};
+
+    /** Each index is looked at before it is used (rule 7): in the line itself, or in one of those above. */
+    private static void indices(String bare) {
+        for (String line : bare.split("\n")) {
+            String all = line.trim();
+            boolean hasIndex = all.replaceAll("new \\w+\\[", "").matches(".*\\w\\[[^\\]].*");
+            if (hasIndex) {
+                boolean tested = all.matches(".*(>= 0 && |< 0 \\|\\| ).*") || Arrays.asList(TESTED_AHEAD).contains(all);
+                check.due("an index is tested: " + all, true, tested);
+            }
+        }
+    }
+
     private static void source() throws IOException {
         String source = Files.readString(Path.of("src/main/java/TierMill.java"));
         String bare = source.replaceAll("(?s)/\\*.*?\\*/", "").replaceAll("//[^\n]*", "");
         for (String word : UNWANTED) {
             check.due("the source has " + word, false, bare.contains(word));
         }
+        indices(bare);
         for (String line : bare.split("\n")) {
             if (line.startsWith("import")) {
-                boolean known = line.equals("import java.util.Arrays;")
-                    || line.equals("import java.util.NoSuchElementException;");
-                check.due(line, true, known);
+                check.due(line, true, line.equals("import java.util.NoSuchElementException;"));
             }
         }
         int from = 0;
