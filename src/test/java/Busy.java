@@ -76,7 +76,8 @@ final class Busy {
             file.sel(REF + 7, three);
         }
         for (int m = 0; m < 16; m++) {
-            file.method(REF + 7, Filer.join(new int[] {REF}, three), 8, 8, Filer.join(new int[] {2}, filled(69, 50)));
+            int[] others = m < 8 ? Filer.types(INT, INT, INT) : three;
+            file.method(REF + 7, Filer.join(new int[] {REF}, others), 8, 8, Filer.join(new int[] {2}, filled(69, 50)));
         }
         for (int c = 0; c < 8; c++) {
             file.row(15, 14, 13, 12, 11, 10, 9, 8);
@@ -86,9 +87,26 @@ final class Busy {
 
     /** An object that had large FILES before: nothing of them may be seen in the next one. */
     static TierMill used() {
+        return usedBy(large());
+    }
+
+    static TierMill usedBy(Filer before) {
         TierMill mill = new TierMill();
-        large().loadInto(mill);
-        large().loadInto(mill);
+        before.loadInto(mill);
+        before.loadInto(mill);
         return mill;
+    }
+
+    /** METHODS of 120 bytes, each the same INSTRUCTIONS over and over, all of which may be come to. */
+    static Filer overAndOver(int... code) {
+        int[] all = {};
+        while (all.length + code.length < 120) {
+            all = Filer.join(all, code);
+        }
+        Filer file = new Filer();
+        for (int m = 0; m < 11; m++) {
+            file.method(0, NO_TYPES, 8, 8, Filer.join(all, new int[] {49}));
+        }
+        return file;
     }
 }

@@ -100,6 +100,15 @@ final class EdgeCodeTest {
         wrong("on behind an unknown byte by 53", 1, 2, 53, 1, 1, 6, 54, 49);
         wrong("the unknown byte itself", 3, 2, 21, 3, 54, 255, 0);
         wrong("on within one whose bytes are not there", 0, 21, 3, 1, 49);
+        for (int op = 54; op <= 255; op++) {
+            wrong("byte " + op + " with others behind it", 0, op, 0, 0, 49);
+            for (int behind = 3; behind <= 8; behind++) {
+                int[] others = Filer.join(code(21, behind, op), filled(behind - 3, 2));
+                wrong("on " + (behind - 2) + " behind byte " + op, 0, Filer.join(others, code(49, 49)));
+            }
+            // As if its length were told as that of a 53.
+            wrong("on behind byte " + op + " and 2 bytes", 0, 21, 5, op, 0, 0, 49);
+        }
     }
 
     private static void endsAhead() {

@@ -383,6 +383,13 @@ final class EdgeFileTest {
             suited(0, m, false);
             suited(1, m, false);
         }
+        for (int params = 0; params <= 3; params++) {
+            // What other FILES had behind the last PARAMETER is none of this one's.
+            int[] others = filled(params, INT);
+            sound(params + " PARAMETERS", 2, new Filer().cls(-1).sel(0, others)
+                .method(0, Filer.join(Filer.types(REF), others), 4, 0, 49)
+                .method(0, NO_TYPES, 0, 0, 49).row(0).bytes());
+        }
         check.says("and which RETURNS what that does");
         for (int m : bytes(9, 10, 11)) {
             suited(0, m, false);

@@ -121,6 +121,27 @@ final class EdgeHeapTest {
         check.due("nothing was COLLECTED", 0, fits.total(4));
     }
 
+    /** All CELLS are there, also the last one, however often it was COLLECTED. */
+    private static void lastCell() {
+        check.says("THE HEAP has room for so many CELLS");
+        for (int room : new int[] {8, 500, 3999, 4000}) {
+            TierMill mill = begun(room, room - 2, 5, filer(
+                3, 0, 41, 4, 2,                             // 0: an ARRAY that fills the heap
+                3, 2, 3, 0, 0, 255, 8, 3, 1, 43,            // 5: its last INT becomes LOCAL 1
+                3, 2, 3, 0, 0, 255, 8, 42, 51,              // 15: and is put out
+                20, 1, 255, 3, 1, 26, 0, 0, 1, 50));        // 24
+            mill.run(2000);
+            check.due("it has ENDED", 2, mill.state());
+            for (int k = 0; k < 5; k++) {
+                check.due("the last INT of " + (room - 2), 5 - k, mill.output(k));
+            }
+            check.due("COLLECTED", 4, mill.total(4));
+            for (int k = 0; k < 4; k++) {
+                check.due("all is let go", room, mill.log(k, 3) - mill.log(k, 4));
+            }
+        }
+    }
+
     private static void lessThanNone() {
         check.says("4 an ARRAY of less than 0 INTS");
         for (int length : new int[] {LEAST, -2, -1}) {
@@ -304,6 +325,36 @@ final class EdgeHeapTest {
         check.due("the one before it", 665, mill.part(0, 2, 2));
     }
 
+    /** Chains of up to four objects, one after the other, are let go; what is COLLECTED tells nothing later on. */
+    private static void chains() {
+        check.says("USED becomes the CELLS of all that can be REACHED");
+        for (int room = 30; room <= 80; room++) {
+            TierMill mill = kept(room, NO_TYPES,
+                0, 99, 4, 0, 2, 4, 2,                       // 0
+                38, 0, 6, 3, 2, 40, 0, 0, 4, 2,             // 7: a new one ahead of the chain
+                20, 0, 255, 3, 0, 0, 3, 13, 23, 30,         // 17: every fourth time
+                2, 4, 2,                                    // 27: it is let go
+                3, 0, 26, 7, 0, 1, 50);                     // 30
+            mill.run(2000);
+            check.due("it has ENDED", 2, mill.state());
+            int used = 0;
+            int inChain = 0;
+            int entries = 0;
+            for (int left = 98; left >= 0; left--) {
+                if (used + 6 > room) {
+                    check.due("USED ahead of it", used, mill.log(entries, 3));
+                    check.due("USED then, room " + room, 6 * inChain, mill.log(entries, 4));
+                    entries++;
+                    used = 6 * inChain;
+                }
+                used += 6;
+                inChain = left % 4 == 0 ? 0 : inChain + 1;
+            }
+            check.due("COLLECTED, room " + room, entries, mill.total(4));
+            check.due("USED at the end, room " + room, used, mill.total(5));
+        }
+    }
+
     private static void seenTheSame() {
         check.says("which gets the next NUMBER (1, 2, ..)");
         // Three are made, the first is let go, a fourth one makes it COLLECT: NUMBERS stay.
@@ -360,6 +411,7 @@ final class EdgeHeapTest {
         cells();
         numbers();
         room();
+        lastCell();
         lessThanNone();
         aboveEvenThen();
         localsAndStacks();
@@ -368,6 +420,7 @@ final class EdgeHeapTest {
         reachedTwice();
         fields();
         chain();
+        chains();
         seenTheSame();
         nullsAndNothing();
         check.end();

@@ -400,6 +400,21 @@ final class EdgeSightTest {
         check.due("a new RUN", -1, mill.inlined(1, 0, 0));
     }
 
+    /** There is no SITE behind the CODE, whatever FILES there were. */
+    private static void sitesBehindTheCode() {
+        check.says("NONE if there is no such SITE or class");
+        for (int length = 3; length <= 60; length++) {
+            TierMill mill = Busy.usedBy(Busy.overAndOver(47, 1));
+            new Filer().method(0, NO_TYPES, 8, 8, Filer.join(Filer.types(47, 0), Busy.filled(length - 2, 49)))
+                .loadInto(mill);
+            mill.start(0, 0, 0, 0);
+            check.due("at PLACE 0", 0, mill.profile(0, 0, 0));
+            for (int p = 1; p < length + 6; p++) {
+                check.due("PLACE " + p + " of " + length, -1, mill.profile(0, p, 0));
+            }
+        }
+    }
+
     private static void profiles() {
         check.says("NONE if there is no such SITE or class (of a 47 another c), or no RUN.");
         TierMill mill = new TierMill();
@@ -563,6 +578,7 @@ final class EdgeSightTest {
         lastMethod();
         inlinedSites();
         profiles();
+        sitesBehindTheCode();
         logs();
         entries();
         eachTotal();

@@ -282,6 +282,57 @@ final class EdgeVerifyTest {
         right("48 that RETURNS on a full STACK", filer(0, 1, 1, Filer.types(38, 1, 48, 2, 49)));
     }
 
+    /** SELECTOR s and METHOD 5 + s have s PARAMETERS; both RETURN INT. */
+    private static Filer shaped(int... code) {
+        Filer file = new Filer().cls(-1);
+        int[][] some = {{}, {INT}, {INT, INT}, {INT, INT, INT}};
+        for (int[] params : some) {
+            file.sel(INT, params);
+        }
+        file.method(0, NO_TYPES, 1, 8, code);
+        for (int[] params : some) {
+            file.method(INT, Filer.join(new int[] {REF}, params), 4, 1, 0, 1, 50);
+        }
+        for (int[] params : some) {
+            file.method(INT, params, 4, 1, 0, 1, 50);
+        }
+        return file.row(1, 2, 3, 4);
+    }
+
+    private static void takesAsMany() {
+        check.says("the METHOD's PARAMETERS (the last one on top) >, it is called");
+        check.says("x, the SELECTOR's PARAMETERS >");
+        for (int s = 0; s <= 3; s++) {
+            for (int there = 0; there <= 3; there++) {
+                for (int op = 47; op <= 48; op++) {
+                    Coder coder = new Coder().add(op == 48 ? new int[] {38, 0} : new int[0]);
+                    for (int i = 0; i < there; i++) {
+                        coder.push('I');
+                    }
+                    // Behind another INSTRUCTION, lest the byte ahead of it tell anything.
+                    int place = coder.add(20, 0, s + 1 & 3).place();
+                    coder.add(op, op == 47 ? 5 + s : s, 49);
+                    int[] code = Filer.join(Filer.types(0, 1, 4, 0), coder.code());
+                    takesOf(op + " with " + s + " PARAMETERS of " + there, shaped(code), place + 4, there - s, op);
+                }
+            }
+        }
+    }
+
+    /** So many more INTS than PARAMETERS are there; below 0 it is WRONG, and a 48 must find x below them. */
+    private static void takesOf(String what, Filer file, int place, int more, int op) {
+        TierMill mill = Busy.used();
+        Filer.putAll(mill, file.bytes());
+        boolean fit = op == 47 ? more >= 0 : more == 0;
+        check.due(what, fit ? 9 : Check.ARGUMENT, mill::load);
+        check.due(what + ": fault(0)", fit ? 0 : 3, mill.fault(0));
+        check.due(what + ": fault(1)", fit ? 0 : place, mill.fault(1));
+        if (fit) {
+            check.due(what + ": the STACK behind it", INT, mill.kind(0, place + 2, 100 + more));
+            check.due(what + ": no more", -1, mill.kind(0, place + 2, 101 + more));
+        }
+    }
+
     // ---- KINDS behind
 
     private static void behindIs(String what, String kinds, char want, int... op) {
@@ -608,6 +659,20 @@ final class EdgeVerifyTest {
         check.due("LOCAL 8 of 8", -1, full.kind(0, 15, 8));
     }
 
+    /** There is nothing behind the CODE, whatever FILES there were. */
+    private static void behindTheCode() {
+        check.says("NONE if there is none such, no INSTRUCTION begins there");
+        for (int length = 1; length <= 60; length++) {
+            TierMill mill = Busy.usedBy(Busy.overAndOver(52, 5));
+            new Filer().method(0, NO_TYPES, 8, 8, Busy.filled(length, 49)).loadInto(mill);
+            check.due("at PLACE 0", 0, mill.kind(0, 0, 0));
+            for (int p = Math.max(1, length - 1); p < length + 6; p++) {
+                check.due("PLACE " + p + " of " + length, -1, mill.kind(0, p, 0));
+                check.due("PLACE " + p + " of " + length + ": STACK", -1, mill.kind(0, p, 100));
+            }
+        }
+    }
+
     public static void main(String[] args) {
         ints();
         references();
@@ -615,6 +680,8 @@ final class EdgeVerifyTest {
         returns();
         locals();
         heights();
+        takesAsMany();
+        behindTheCode();
         kindsBehind();
         kindsThatWere();
         swapped();
