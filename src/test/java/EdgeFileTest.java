@@ -181,6 +181,29 @@ final class EdgeFileTest {
         check.due("no FIELD 5: FAULT 2", 2, other.fault(0));
     }
 
+    /** Eight classes, each but 0 and 1 below the last but one: what each has of its own, and of its SUPERS. */
+    private static void fieldsOfEach() {
+        check.says("A class has its SUPER's FIELDS, then its own");
+        int[][] own = {{INT}, {ARRAY}, {REF + 2}, {INT, REF}, {ARRAY, REF + 7}, {REF + 5, ARRAY}, {INT}, {REF + 1}};
+        int[][] types = new int[8][];
+        for (int c = 0; c < 8; c++) {
+            types[c] = all(c < 2 ? bytes() : types[c - 2], own[c]);
+        }
+        for (int c = 0; c < 8; c++) {
+            for (int f = 0; f <= types[c].length; f++) {
+                Filer file = new Filer();
+                for (int d = 0; d < 8; d++) {
+                    file.cls(d < 2 ? -1 : d - 2, own[d]);
+                }
+                TierMill mill = Busy.used();
+                Filer.putAll(mill, file.method(0, NO_TYPES, 0, 1, 2, 39, c, f, 5, 49).bytes());
+                boolean there = f < types[c].length;
+                check.due("FIELD " + f + " of class " + c, there ? 1 : Check.ARGUMENT, mill::load);
+                check.due("FIELD " + f + " of class " + c + ": TYPE", there ? types[c][f] : -1, mill.kind(0, 4, 100));
+            }
+        }
+    }
+
     /** Classes 0 to 3 one below the other, 4 and 5 below 1, 6 and 7 apart. */
     private static void below() {
         check.says("A class is BELOW its SUPER, and what that is BELOW.");
@@ -451,6 +474,39 @@ final class EdgeFileTest {
         }
     }
 
+    /** Eight classes by twos, the second one below the first; METHOD 1 + c RETURNS c and is for class c or one below. */
+    private static void inheritedByEach() {
+        check.says("0: as its SUPER has it (none without one)");
+        for (int pair = 0; pair < 4; pair++) {
+            for (int which = 0; which < 6; which++) {
+                int c = 2 * pair + which % 2;
+                // None of the two has one, the first one, or both.
+                int has = which / 2;
+                Filer file = new Filer();
+                for (int d = 0; d < 8; d++) {
+                    file.cls(d % 2 == 0 ? -1 : d - 1);
+                }
+                file.sel(0).sel(INT).method(INT, NO_TYPES, 0, 1, 38, c, 48, 1, 50);
+                for (int d = 0; d < 8; d++) {
+                    file.method(INT, Filer.types(REF + d), 1, 1, 0, d, 50);
+                }
+                for (int d = 0; d < 8; d++) {
+                    boolean own = d / 2 != pair ? d % 2 == 0 : has > d % 2;
+                    file.row(-1, own ? 1 + d : -1);
+                }
+                TierMill mill = Busy.used();
+                String what = "class " + c + " where " + has + " have one";
+                check.due(what, has == 0 ? Check.ARGUMENT : 9, () -> file.loadInto(mill));
+                check.due(what + ": fault(0)", has == 0 ? 3 : 0, mill.fault(0));
+                if (has > 0) {
+                    mill.start(0, 0, 0, 0);
+                    mill.run(5);
+                    check.due(what + " calls", has == 1 ? 2 * pair : c, mill.result(1));
+                }
+            }
+        }
+    }
+
     // ---- FAULT 1
 
     /** A FILE with all parts. */
@@ -527,6 +583,7 @@ final class EdgeFileTest {
         fieldCount();
         fieldsInAll();
         superFirst();
+        fieldsOfEach();
         below();
         eachType();
         selectors();
@@ -536,6 +593,7 @@ final class EdgeFileTest {
         table();
         tableRows();
         inherited();
+        inheritedByEach();
         richIsRead();
         firstWrong();
         ends();

@@ -295,6 +295,28 @@ final class EdgeHeapTest {
             3, 2, 40, 0, 0, 2, 4, 2, 38, 1, 5, 0, 1, 50), 11, 12, 0);
     }
 
+    /** Class c alone has FIELDS; FIELD f of one that is kept has another object or an ARRAY, an INT in FIELD 1. */
+    private static void fieldsOfEach() {
+        check.says("and what FIELDS of such objects have");
+        for (int c = 0; c < 8; c++) {
+            for (int f : new int[] {0, 2, 3}) {
+                Filer file = new Filer();
+                for (int d = 0; d < 8; d++) {
+                    file.cls(-1, d == c ? new int[] {REF + c, INT, ARRAY, REF + c} : NO_TYPES);
+                }
+                int[] other = f == 2 ? new int[] {0, 4, 41} : new int[] {38, c};
+                int[] ahead = {38, c, 5, 38, c, 4, 2, 3, 2, 0, 1, 40, c, 1, 3, 2};
+                TierMill mill = begun(18, 0, 0, file.method(INT, TWO, 6, 6, Filer.join(Filer.join(ahead, other),
+                    new int[] {40, c, f, 38, c, 5, 0, 1, 50})));
+                String what = "FIELD " + f + " of class " + c;
+                collected(what, mill, f == 2 ? 11 : 10, 18, 12);
+                check.due(what, 3, mill.part(0, 2, 2 + f));
+                check.due(what + ": the INT", 1, mill.part(0, 2, 3));
+                check.due(what + ": class", c, mill.part(0, 2, 0));
+            }
+        }
+    }
+
     /** A chain of objects, each in FIELD 0 of the next one; then it is let go, and one more is made. */
     private static void chain() {
         check.says("USED becomes the CELLS of all that can be REACHED");
@@ -419,6 +441,7 @@ final class EdgeHeapTest {
         latestFrame();
         reachedTwice();
         fields();
+        fieldsOfEach();
         chain();
         chains();
         seenTheSame();

@@ -881,6 +881,39 @@ final class EdgeTierTest {
         check.due("a new RUN's LOG is empty", 0, mill.total(4));
     }
 
+    /** METHOD 0 calls METHOD 1 and itself: it is COMPILED as any other one is, with what is INLINED in it. */
+    private static void ofMethod0() {
+        check.says("A call at a SITE that is INLINED there (in the COMPILED FRAME's METHOD, or in what the FRAME is "
+            + "INLINED for) makes an INLINED FRAME within the COMPILED one; it is no INVOCATION.");
+        TierMill mill = new Filer()
+            .method(0, ONE, 1, 2, 3, 0, 27, 13, 47, 1, 3, 0, 0, 255, 8, 47, 0, 49)
+            .method(0, NO_TYPES, 0, 0, 49).loaded();
+        mill.tiers(2, 1, 1, 120);
+        mill.start(5, 0, 0, 0);
+        mill.run(8);
+        planned(mill, "METHOD 0", 0, row(0, 0, 4, -1, 1), row(0, 0, 11, -1, 0));
+        logged(mill, "METHOD 0", 0, 1, 7, 0, 2, 14 + 1 + 14);
+        tiers(mill, "it calls itself", COMPILED, PLAIN);
+        mill.run(3);
+        tiers(mill, "it calls METHOD 1", INLINED, COMPILED, PLAIN);
+        check.due("METHOD 1's COUNT", 1, mill.method(1, 0));
+        mill.run(5);
+        tiers(mill, "it calls itself again", INLINED, COMPILED, PLAIN);
+        check.due("the latest FRAME's METHOD", 0, mill.frame(0, 0));
+        check.due("METHOD 0's COUNT", 2, mill.method(0, 0));
+        mill.run(3);
+        tiers(mill, "it calls METHOD 1 where that is not INLINED", COMPILED, INLINED, COMPILED, PLAIN);
+        check.due("METHOD 1's COUNT then", 2, mill.method(1, 0));
+        check.due("PROFILE", 1, mill.profile(0, 4, 0));
+    }
+
+    private static void tiers(TierMill mill, String what, int... tiers) {
+        check.due(what + ": FRAMES", tiers.length, mill.total(3));
+        for (int k = 0; k < tiers.length; k++) {
+            check.due(what + ": frame(" + k + ", 2)", tiers[k], mill.frame(k, 2));
+        }
+    }
+
     private static void stepsOfTheRun() {
         check.says("how many STEPS of the RUN had been done (ahead of the one in which it comes; ENTRY 3 comes with a "
             + "TRAP 6, too)");
@@ -923,6 +956,7 @@ final class EdgeTierTest {
         anewAtOnce();
         oldPlans();
         fullLog();
+        ofMethod0();
         stepsOfTheRun();
         check.end();
     }

@@ -282,12 +282,12 @@ final class EdgeVerifyTest {
         right("48 that RETURNS on a full STACK", filer(0, 1, 1, Filer.types(38, 1, 48, 2, 49)));
     }
 
-    /** SELECTOR s and METHOD 5 + s have s PARAMETERS; both RETURN INT. */
+    /** SELECTORS s and 7 - s and METHOD 5 + s have s PARAMETERS; all RETURN INT. */
     private static Filer shaped(int... code) {
         Filer file = new Filer().cls(-1);
         int[][] some = {{}, {INT}, {INT, INT}, {INT, INT, INT}};
-        for (int[] params : some) {
-            file.sel(INT, params);
+        for (int s = 0; s < 8; s++) {
+            file.sel(INT, some[Math.min(s, 7 - s)]);
         }
         file.method(0, NO_TYPES, 1, 8, code);
         for (int[] params : some) {
@@ -296,27 +296,31 @@ final class EdgeVerifyTest {
         for (int[] params : some) {
             file.method(INT, params, 4, 1, 0, 1, 50);
         }
-        return file.row(1, 2, 3, 4);
+        return file.row(1, 2, 3, 4, 4, 3, 2, 1);
     }
 
     private static void takesAsMany() {
         check.says("the METHOD's PARAMETERS (the last one on top) >, it is called");
         check.says("x, the SELECTOR's PARAMETERS >");
-        for (int s = 0; s <= 3; s++) {
-            for (int there = 0; there <= 3; there++) {
-                for (int op = 47; op <= 48; op++) {
-                    Coder coder = new Coder().add(op == 48 ? new int[] {38, 0} : new int[0]);
-                    for (int i = 0; i < there; i++) {
-                        coder.push('I');
-                    }
-                    // Behind another INSTRUCTION, lest the byte ahead of it tell anything.
-                    int place = coder.add(20, 0, s + 1 & 3).place();
-                    coder.add(op, op == 47 ? 5 + s : s, 49);
-                    int[] code = Filer.join(Filer.types(0, 1, 4, 0), coder.code());
-                    takesOf(op + " with " + s + " PARAMETERS of " + there, shaped(code), place + 4, there - s, op);
-                }
+        for (int there = 0; there <= 3; there++) {
+            for (int s = 0; s < 8; s++) {
+                takes(there, Math.min(s, 7 - s), 48, s);
+            }
+            for (int m = 5; m <= 8; m++) {
+                takes(there, m - 5, 47, m);
             }
         }
+    }
+
+    private static void takes(int there, int params, int op, int named) {
+        Coder coder = new Coder().add(0, 1, 4, 0).add(op == 48 ? new int[] {38, 0} : new int[0]);
+        for (int i = 0; i < there; i++) {
+            coder.push('I');
+        }
+        // Behind another INSTRUCTION, whose last byte tells another one.
+        int place = coder.add(20, 0, named + 1 & 7).place();
+        int[] code = coder.add(op, named, 49).code();
+        takesOf(op + " " + named + " of " + there, shaped(code), place, there - params, op);
     }
 
     /** So many more INTS than PARAMETERS are there; below 0 it is WRONG, and a 48 must find x below them. */
